@@ -1,3 +1,5 @@
+import java.util.Arrays;
+
 /**
  * A machine of two harts with an untrusted system on it and a monitor beneath,
  * which gives regions of memory to enclaves and lets nobody else in.
@@ -327,7 +329,8 @@ public final class EnclaveHouse {
             }
             house.report[i] = packed;
         }
-        return house.isReport();
+        house.sealReport(house.scratch);
+        return house.bears(house.scratch);
     }
 
     public long outside() {
@@ -450,6 +453,7 @@ public final class EnclaveHouse {
                 compress();
                 clearBlockFrom(0);
             }
+            schedule[14] = length >>> 29;
             schedule[15] = length << 3;
             compress();
             for (int i = 0; i < 8 && i < out.length; i++) {
@@ -481,7 +485,7 @@ public final class EnclaveHouse {
         }
 
         private void clearBlockFrom(int word) {
-            for (int i = word; i < 16; i++) {
+            for (int i = word; i >= 0 && i < 16; i++) {
                 schedule[i] = 0;
             }
         }
@@ -549,18 +553,10 @@ public final class EnclaveHouse {
         private final int[] reserved = new int[HARTS];
 
         void clear() {
-            for (int i = 0; i < words.length; i++) {
-                words[i] = 0;
-            }
-            for (int i = 0; i < PAGES; i++) {
-                pageRegion[i] = NONE;
-            }
-            for (int i = 0; i < REGIONS; i++) {
-                sort[i] = 0;
-            }
-            for (int i = 0; i < HARTS; i++) {
-                reserved[i] = NONE;
-            }
+            Arrays.fill(words, 0);
+            Arrays.fill(pageRegion, NONE);
+            Arrays.fill(sort, 0);
+            Arrays.fill(reserved, NONE);
         }
 
         int wordAt(int place) {
@@ -833,9 +829,7 @@ public final class EnclaveHouse {
         }
 
         void restart() {
-            for (int i = 0; i < 32; i++) {
-                x[i] = 0;
-            }
+            Arrays.fill(x, 0);
             pc = 0;
             mode = 1;
             waits = false;
@@ -1007,9 +1001,7 @@ public final class EnclaveHouse {
         }
 
         private void clear() {
-            for (int i = 0; i < 32; i++) {
-                x[i] = 0;
-            }
+            Arrays.fill(x, 0);
             pc = 0;
             handler = 0;
             held = false;
@@ -1068,9 +1060,7 @@ public final class EnclaveHouse {
             measuring.feedNumber(4);
             measuring.feedNumber(itsFlags);
             measuring.end(measurement);
-            for (int i = 0; i < 8; i++) {
-                record[i] = 0;
-            }
+            Arrays.fill(record, 0);
             flags = itsFlags;
             state = READY;
         }
@@ -1304,9 +1294,7 @@ public final class EnclaveHouse {
                 enclaves[i].state = 0;
                 enclaves[i].generation = 0;
             }
-            for (int i = 0; i < 8; i++) {
-                log[i] = 0;
-            }
+            Arrays.fill(log, 0);
             off = false;
             eventCount = 0;
             sha.beginKeyed(device);
@@ -1372,7 +1360,7 @@ public final class EnclaveHouse {
         }
 
         void note(int sort, Fibre fibre, int p, int q, int r) {
-            if (eventCount < EVENTS_KEPT) {
+            if (eventCount >= 0 && eventCount < EVENTS_KEPT) {
                 int at = eventCount * EVENT_PARTS;
                 events[at] = sort;
                 events[at + 1] = devices.time;
@@ -1408,10 +1396,10 @@ public final class EnclaveHouse {
             sha.endKeyed(root, out);
         }
 
-        boolean isReport() {
-            sealReport(scratch);
-            for (int i = 0; i < 8; i++) {
-                if (scratch[i] != report[24 + i]) {
+        /** Whether the REPORT's last 32 bytes are a seal. */
+        boolean bears(int[] seal) {
+            for (int i = 0; i < 8 && i < seal.length; i++) {
+                if (seal[i] != report[24 + i]) {
                     return false;
                 }
             }
@@ -2396,7 +2384,8 @@ public final class EnclaveHouse {
                 return BAD;
             }
             read(from, REPORT_BYTES, house.report, 0);
-            return house.isReport() ? 1 : 0;
+            house.sealReport(house.scratch);
+            return house.bears(house.scratch) ? 1 : 0;
         }
 
         private int giveKey(Fibre fibre, int label, int to) {
