@@ -1,0 +1,270 @@
+/** Promises 1 to 5, 7, 8, 10, 11, 12, 14, 17 and 28: the machine without enclaves, and its edges. */
+public final class MachineTest {
+    private static final int[] CONTROLS = {
+        0x100, 0x104, 0x105, 0x140, 0x141, 0x142, 0x143, 0x144, 0x14d, 0x180, 0xc01, 0xf14
+    };
+    private static final Check check = new Check("MachineTest");
+
+    public static void main(String[] args) {
+        newObject();
+        boot();
+        poke();
+        wordsOfMemory();
+        secret();
+        registers();
+        place();
+        controlMasks();
+        controlRefusals();
+        rounds();
+        line();
+        goingOff();
+        counts();
+        check.end();
+    }
+
+    private static void newObject() {
+        EnclaveHouse house = new EnclaveHouse(9);
+        int[] due = {0, 0, 0, 0, 0, 0, 0, 0, -1, -1, 0, 0, 1, 1, 0, 0, 0, 0, 0, 0, -1, 0, 0};
+        for (int what = 0; what < due.length; what++) {
+            check.is("count(" + what + ") at first", due[what], house.count(what));
+        }
+        for (int hart = 0; hart < 2; hart++) {
+            for (int control : CONTROLS) {
+                int first = control == 0x14d ? -1 : control == 0xf14 ? hart : 0;
+                check.is("control " + control + " at first", first, house.control(hart, control));
+            }
+        }
+        check.is("a new object is as behind boot(0)", house.outside(), bootedTo(0, 9).outside());
+        check.is("disk at first", 0, house.disk(31, 255, -1));
+    }
+
+    private static EnclaveHouse bootedTo(int version, int seed) {
+        EnclaveHouse house = new EnclaveHouse(seed);
+        house.boot(version);
+        return house;
+    }
+
+    private static void boot() {
+        EnclaveHouse house = new EnclaveHouse(1);
+        long fresh = house.outside();
+        house.poke(0, 1, 2, 3, 4, 5);
+        house.setRegister(1, 5, 6);
+        house.setControl(0, 0x14d, 3);
+        house.setControl(1, 0x144, 2);
+        house.place(0, 64, 0);
+        house.line(true);
+        house.type(7);
+        house.call(0, 1, 0x8000, 256, 0, 0);
+        house.call(0, 1, 0x9000, 256, 0, 0);
+        house.call(0, 12, 65, 0, 0, 0);
+        house.call(0, 14, 0, 0, 0, 0);
+        house.call(0, 19, 7, 0, 0, 0);
+        house.run(6);
+        house.call(0, 18, 0, 0, 0, 0);
+        check.is("enclaves before boot", 2, house.boot(3));
+        check.is("outside behind boot", fresh, house.outside());
+        check.is("enclaves before the next boot", 0, house.boot(3));
+        check.is("the line behind boot", false, house.line(false));
+        check.is("generation behind boot", 0, house.enclave(0, 5));
+        house.disk(3, 4, 99);
+        house.boot(-1);
+        check.is("the disk outlives boot", 99, house.disk(3, 4, -1));
+    }
+
+    private static void poke() {
+        EnclaveHouse house = new EnclaveHouse(1);
+        check.is("poke", 0, house.poke(0, 1, -2, 3, -4, 5));
+        check.is("its words", "1 -2 3 -4 5", words(house, 0));
+        check.is("the last place", 0, house.poke(131052, 6, 7, 8, 9, 10));
+        check.is("its words", "6 7 8 9 10", words(house, 131052));
+        check.is("one word too far", -1, house.poke(131056, 1, 1, 1, 1, 1));
+        check.is("nothing came", 7, house.word(131056));
+        check.is("no multiple of 4", -1, house.poke(2, 1, 1, 1, 1, 1));
+        check.is("below 0", -1, house.poke(-4, 1, 1, 1, 1, 1));
+        check.is("far off", -1, house.poke(0x7ffffffc, 1, 1, 1, 1, 1));
+        house.call(0, 1, 0x8000, 256, 0, 0);
+        check.is("the last word is private", -1, house.poke(0x8000 - 16, 1, 2, 3, 4, 5));
+        check.is("nothing came", 0, house.word(0x8000 - 16));
+        check.is("ahead of it", 0, house.poke(0x8000 - 20, 1, 2, 3, 4, 5));
+        check.is("the first word is private", -1, house.poke(0x80fc, 1, 2, 3, 4, 5));
+        check.is("behind it", 0, house.poke(0x8100, 1, 2, 3, 4, 5));
+        house.call(0, 9, 0, 0xa000, 256, 0);
+        check.is("a shared region is open", 0, house.poke(0xa000, 11, 12, 13, 14, 15));
+        check.is("its words", "11 12 13 14 15", words(house, 0xa000));
+    }
+
+    private static String words(EnclaveHouse house, int place) {
+        StringBuilder text = new StringBuilder();
+        for (int i = 0; i < 5; i++) {
+            text.append(i == 0 ? "" : " ").append(house.word(place + 4 * i));
+        }
+        return text.toString();
+    }
+
+    private static void wordsOfMemory() {
+        Bench bench = new Bench(1);
+        EnclaveHouse house = bench.house;
+        house.poke(0x1000, 0x01020304, 2, 3, 4, 5);
+        bench.call(1, 0x8000, 256);
+        bench.call(2, 0, 0, 0x1000);
+        check.is("inner of an enclave", 0x01020304, house.inner(0x8000));
+        check.is("word of an enclave", 0, house.word(0x8000));
+        check.is("word", 0x01020304, house.word(0x1000));
+        check.is("inner", 2, house.inner(0x1004));
+        for (int wrong : new int[] {1, 2, 3, 0x1001, 131072, -4, -1, Integer.MIN_VALUE, Integer.MAX_VALUE}) {
+            check.is("word(" + wrong + ")", 0, house.word(wrong));
+            check.is("inner(" + wrong + ")", 0, house.inner(wrong));
+        }
+    }
+
+    private static void secret() {
+        Bench bench = new Bench(1);
+        EnclaveHouse house = bench.house;
+        bench.call(1, 0x8000, 256);
+        check.is("it was 0", 0, house.secret(0, 5, 200));
+        check.is("it was 200", 200, house.secret(0, 5, 0x12));
+        check.is("the word of it", 0x1200, house.inner(0x8004));
+        check.is("the last one", 0, house.secret(0, 255, 255));
+        check.is("the word of it", 0xff000000, house.inner(0x80fc));
+        check.is("no offset", -1, house.secret(0, 256, 1));
+        check.is("no offset", -1, house.secret(0, -1, 1));
+        check.is("no byte", -1, house.secret(0, 5, 256));
+        check.is("no byte", -1, house.secret(0, 5, -1));
+        check.is("no enclave", -1, house.secret(1, 5, 1));
+        check.is("no enclave", -1, house.secret(-1, 5, 1));
+        check.is("no enclave", -1, house.secret(6, 5, 1));
+        check.is("it stayed", 0x12, house.secret(0, 5, 0x12));
+    }
+
+    private static void registers() {
+        EnclaveHouse house = new EnclaveHouse(1);
+        check.is("it was 0", 0, house.setRegister(0, 31, -9));
+        check.is("it was -9", -9, house.setRegister(0, 31, 8));
+        check.is("register", 8, house.register(0, 31));
+        check.is("the other hart", 0, house.register(1, 31));
+        check.is("x0", 0, house.setRegister(1, 0, 5));
+        check.is("x0 stays", 0, house.register(1, 0));
+        int[][] wrong = {{2, 1}, {-1, 1}, {0, 32}, {0, -1}};
+        for (int[] one : wrong) {
+            check.is("no such register", 0, house.setRegister(one[0], one[1], 7));
+            check.is("no such register", 0, house.register(one[0], one[1]));
+        }
+    }
+
+    private static void place() {
+        EnclaveHouse house = new EnclaveHouse(1);
+        check.is("place", 0, house.place(1, -4, 0));
+        check.is("its pc", -4, house.count(15));
+        check.is("its mode", 0, house.count(13));
+        check.is("no hart", -1, house.place(2, 0, 0));
+        check.is("no hart", -1, house.place(-1, 0, 0));
+        check.is("no mode", -1, house.place(0, 8, 2));
+        check.is("no mode", -1, house.place(0, 8, -1));
+        check.is("no multiple of 4", -1, house.place(0, 6, 1));
+        check.is("nothing came of it", 0, house.count(14));
+        house.poke(0, Code.WAIT, 0, 0, 0, 0);
+        house.run(1);
+        check.is("it waits", 1, house.count(10));
+        house.place(0, 16, 1);
+        check.is("it waits no more", 0, house.count(10));
+    }
+
+    private static void controlMasks() {
+        EnclaveHouse house = new EnclaveHouse(1);
+        int[] kept = {786722, 546, -4, -1, -4, -1, -1, 2, -1, 0x803fffff};
+        for (int i = 0; i < kept.length; i++) {
+            check.is("setControl", 0, house.setControl(1, CONTROLS[i], -1));
+            check.is("what " + CONTROLS[i] + " keeps", kept[i], house.control(1, CONTROLS[i]));
+            check.is("the other hart's", i == 8 ? -1 : 0, house.control(0, CONTROLS[i]));
+            check.is("setControl", 0, house.setControl(1, CONTROLS[i], 0x5a5a5a5a));
+            // COMPARE below TIME would show in PENDING, which comes before it here.
+            check.is("what " + CONTROLS[i] + " keeps", 0x5a5a5a5a & kept[i], house.control(1, CONTROLS[i]));
+        }
+        house.setControl(0, 0x14d, 0);
+        check.is("the timer", 32, house.control(0, 0x144));
+        house.line(true);
+        check.is("the timer and the line", 544, house.control(0, 0x144));
+        house.setControl(0, 0x144, 0);
+        check.is("only bit 1 is written", 544, house.control(0, 0x144));
+    }
+
+    private static void controlRefusals() {
+        EnclaveHouse house = new EnclaveHouse(1);
+        for (int number : new int[] {0xc01, 0xf14, 0, 0x101, 0x300, -1, 0x1100, Integer.MIN_VALUE}) {
+            check.is("setControl " + number, -1, house.setControl(0, number, 1));
+        }
+        check.is("no hart", -1, house.setControl(2, 0x140, 1));
+        check.is("no hart", -1, house.setControl(-1, 0x140, 1));
+        check.is("no such number", 0, house.control(0, 0x101));
+        check.is("no such hart", 0, house.control(2, 0xf14));
+        check.is("no such hart", 0, house.control(-1, 0x14d));
+        check.is("the hart's number", 1, house.control(1, 0xf14));
+        house.run(3);
+        check.is("TIME", 3, house.control(1, 0xc01));
+    }
+
+    private static void rounds() {
+        EnclaveHouse house = new EnclaveHouse(1);
+        check.is("none", 0, house.run(0));
+        check.is("below 0", -1, house.run(-1));
+        check.is("too many", -1, house.run(2001));
+        check.is("far too many", -1, house.run(Integer.MAX_VALUE));
+        check.is("TIME stays", 0, house.count(0));
+        check.is("the most", 2000, house.run(2000));
+        check.is("TIME", 2000, house.count(0));
+    }
+
+    private static void line() {
+        EnclaveHouse house = new EnclaveHouse(1);
+        check.is("it was off", false, house.line(true));
+        check.is("it was on", true, house.line(true));
+        check.is("both harts see it", 512, house.control(0, 0x144) & house.control(1, 0x144));
+        check.is("it was on", true, house.line(false));
+        check.is("nobody sees it", 0, house.control(0, 0x144) | house.control(1, 0x144));
+    }
+
+    private static void goingOff() {
+        Bench bench = new Bench(1);
+        EnclaveHouse house = bench.house;
+        bench.system(0x100, new Code().word(Code.NOTHING).call(18, 0, 0));
+        house.poke(0x200, Code.NOTHING, Code.NOTHING, Code.NOTHING, Code.NOTHING, Code.NOTHING);
+        house.poke(0x214, Code.NOTHING, Code.NOTHING, Code.NOTHING, Code.NOTHING, Code.NOTHING);
+        house.place(1, 0x200, 1);
+        check.is("rounds until it went off", 8, house.run(100));
+        check.is("TIME", 7, house.count(0));
+        check.is("it is off", 1, house.count(1));
+        check.is("the answer", 0, house.register(0, 10));
+        check.is("the PC goes on", 0x120, house.count(14));
+        check.is("hart 1 had no step in that round", 0x21c, house.count(15));
+        check.is("no rounds any more", 0, house.run(5));
+        check.is("wrong rounds", -1, house.run(-5));
+        check.is("no calls any more", -1, bench.call(15));
+        check.is("other calls are as ever", 0, house.poke(0, 1, 2, 3, 4, 5));
+        check.is("other calls are as ever", 0, house.type(5));
+        house.boot(0);
+        check.is("boot turns it on", 0, house.count(1));
+        check.is("calls again", 0, bench.call(15));
+    }
+
+    private static void counts() {
+        Bench bench = new Bench(1);
+        EnclaveHouse house = bench.house;
+        bench.call(1, 0x8000, 256);
+        bench.call(1, 0x8100, 256);
+        bench.call(3, 0, 0, 0);
+        bench.call(3, 0, 0, 0);
+        bench.call(3, 1, 0, 0);
+        bench.call(9, 0, 0x9000, 256);
+        bench.call(12, 1);
+        bench.call(14, 0, 0, 0);
+        house.type(3);
+        int[][] due = {{2, 2}, {3, 3}, {4, 3}, {6, 1}, {7, 1}, {19, 1}, {20, -1}, {23, -1}, {-1, -1}, {99, -1}};
+        for (int[] one : due) {
+            check.is("count(" + one[0] + ")", one[1], house.count(one[0]));
+        }
+        house.place(0, 12, 0);
+        house.place(1, 20, 1);
+        check.is("modes and places", "0 1 12 20",
+            house.count(12) + " " + house.count(13) + " " + house.count(14) + " " + house.count(15));
+    }
+}
