@@ -1,0 +1,366 @@
+/** Promises 9, 14, 19, 21 and 22: THREADS that run, cease, are handled and store, and their EVENTS. */
+public final class EnclaveTest {
+    private static final Check check = new Check("EnclaveTest");
+
+    public static void main(String[] args) {
+        exits();
+        yields();
+        faults();
+        staysInside();
+        interrupts();
+        slices();
+        handlers();
+        refusedReturns();
+        acceptance();
+        entriesOfThreads();
+        storesAreTold();
+        eventsKept();
+        reservations();
+        illegalInside();
+        check.end();
+    }
+
+    private static String told(EnclaveHouse house, int hart) {
+        return house.register(hart, 10) + " " + house.register(hart, 11) + " " + house.register(hart, 12);
+    }
+
+    private static void exits() {
+        Bench bench = new Bench(1);
+        bench.enclave(0x8000, 256, 0, new Code().exit(1));
+        int thread = bench.enclave(0x9000, 256, 0, new Code().set(8, 4).exit(-7));
+        for (int n = 1; n < 32; n++) {
+            bench.house.setRegister(0, n, 1000 + n);
+        }
+        bench.house.place(0, 0x400, 0);
+        bench.enter(thread, 5, 6);
+        check.is("EXIT tells", "0 -7 1", told(bench.house, 0));
+        for (int n = 1; n < 32; n++) {
+            if (n < 10 || n > 12) {
+                check.is("the system's x" + n, 1000 + n, bench.house.register(0, n));
+            }
+        }
+        check.is("its PC and MODE", "1024 0", bench.house.count(14) + " " + bench.house.count(12));
+        check.is("IDLE", 1, bench.house.thread(thread, 0));
+        check.is("on no hart", -1, bench.house.thread(thread, 2));
+        check.is("x10 as it was", -7, bench.house.inside(thread, 10));
+        check.is("its PC", 0x9000 + 36, bench.house.inside(thread, 32));
+        check.is("what it had", 4, bench.house.inside(thread, 8));
+        check.is("the event", "1 8 0 1 1 -7 0 0", bench.event(0));
+        check.is("in all", 1, bench.house.count(5));
+        bench.call(5, thread, 0, 0);
+        check.is("entered again, all is 0", 0, bench.house.inside(thread, 8));
+    }
+
+    private static void yields() {
+        Bench bench = new Bench(1);
+        Code code = new Code().callTo(9, 33, 55, 0).word(Code.byNumber(19, 10, 0, 9, 0)).set(17, 32).word(Code.CALL);
+        int thread = bench.enclave(0x8000, 256, 0, code);
+        bench.enter(thread, 0, 0);
+        check.is("YIELD tells", "1 55 0", told(bench.house, 0));
+        check.is("YIELDED", 4, bench.house.thread(thread, 0));
+        check.is("x10 as it was", 55, bench.house.inside(thread, 10));
+        check.is("its PC", 0x8000 + 28, bench.house.inside(thread, 32));
+        check.is("the event", "2 6 0 0 0 55 0 0", bench.event(0));
+        bench.call(6, thread, 123);
+        bench.runThread();
+        check.is("it got what was given", "0 123 0", told(bench.house, 0));
+        check.is("the event", "1: 123 0 0", bench.brief(1));
+    }
+
+    private static void faults() {
+        int[][] due = {
+            {2, 0}, {3, Code.BREAK}, {4, Code.byNumber(3, 7, 2, 2, 1)}, {6, Code.storing(1, 2, 0, 1)},
+            {5, Code.byNumber(3, 7, 2, 0, 0)}, {7, Code.storing(2, 0, 0, 0)}, {0, Code.jumping(7, 2)}
+        };
+        for (int[] one : due) {
+            Bench bench = new Bench(1);
+            int thread = bench.enclave(0x8000, 256, 0, new Code().word(Code.NOTHING).word(one[1]));
+            bench.enter(thread, 8, 9);
+            check.is("the fault tells", "3 " + one[0] + " 0", told(bench.house, 0));
+            check.is("DEAD", 5, bench.house.thread(thread, 0));
+            check.is("its PC stays there", 0x8004, bench.house.inside(thread, 32));
+            check.is("x7 stays", 0, bench.house.inside(thread, 7));
+            check.is("the event", "3 1 0 0 0 " + one[0] + " 0 0", bench.event(0));
+            check.is("not to be entered", -2, bench.call(5, thread, 0, 0));
+            check.is("nor resumed", -2, bench.call(6, thread, 0));
+            check.is("the system's registers of traps", 0, bench.house.control(0, 0x142));
+        }
+    }
+
+    private static int faultAt(Code code) {
+        Bench bench = new Bench(1);
+        bench.call(1, 0x9000, 256);
+        int thread = bench.enclave(0x8000, 256, 0, code.exit(0));
+        bench.enter(thread, 0, 0);
+        return bench.house.register(0, 10) == 3 ? bench.house.register(0, 11) : -1;
+    }
+
+    private static void staysInside() {
+        check.is("its own last word", -1, faultAt(new Code().set(5, 0x80fc).load(2, 6, 5, 0)));
+        check.is("behind it", 5, faultAt(new Code().set(5, 0x80fc).load(2, 6, 5, 4)));
+        check.is("ahead of it", 7, faultAt(new Code().set(5, 0x8000).store(0, 5, 0, -1)));
+        check.is("another enclave", 5, faultAt(new Code().set(5, 0x9000).load(4, 6, 5, 0)));
+        check.is("far off", 7, faultAt(new Code().set(5, -4).store(2, 5, 0, 0)));
+        check.is("going on outside", 1, faultAt(new Code().set(5, 0x100).word(Code.byNumber(103, 0, 0, 5, 0))));
+        check.is("a word of memory", 7, faultAt(new Code().set(5, 0x100).word(Code.inMemory(0, 6, 5, 0))));
+        check.is("reserving outside", 5, faultAt(new Code().set(5, 0x100).word(Code.inMemory(2, 6, 5, 0))));
+        Bench bench = new Bench(1);
+        int thread = bench.enclave(0x8000, 256, 0, new Code().set(5, 0x8080).load(2, 6, 5, 0).exit(0));
+        bench.house.setControl(0, 0x180, -1);
+        bench.house.secret(0, 0x80, 77);
+        bench.enter(thread, 0, 0);
+        check.is("the system's tables do not count", 77, bench.house.inside(thread, 6));
+    }
+
+    private static void interrupts() {
+        Bench bench = new Bench(1);
+        Code code = new Code().word(Code.byNumber(19, 8, 0, 8, 1)).word(Code.jumping(0, -4));
+        int thread = bench.enclave(0x8000, 256, 0, code);
+        bench.house.setControl(0, 0x104, 32);
+        bench.house.setControl(0, 0x14d, 3);
+        bench.call(5, thread, 0, 0);
+        bench.house.run(3);
+        check.is("it runs still", 0, bench.house.count(8));
+        bench.house.run(1);
+        check.is("INTERRUPTED tells", "2 0 0", told(bench.house, 0));
+        check.is("its state", 3, bench.house.thread(thread, 0));
+        check.is("its PC", 0x8004, bench.house.inside(thread, 32));
+        check.is("its x8", 2, bench.house.inside(thread, 8));
+        check.is("no event", 0, bench.house.count(5));
+        check.is("no trap", 0, bench.house.control(0, 0x142));
+        bench.house.setControl(0, 0x14d, -1);
+        bench.house.setControl(0, 0x104, 0);
+        check.is("RESUME", thread, bench.call(6, thread, 99));
+        check.is("x10 is as it was", 0, bench.house.inside(thread, 10));
+        bench.house.run(2);
+        check.is("it went on", 3, bench.house.inside(thread, 8));
+        bench.house.line(true);
+        bench.house.run(1);
+        check.is("not enabled", 0, bench.house.count(8));
+        bench.house.setControl(0, 0x104, 512);
+        bench.house.run(1);
+        check.is("enabled", -1, bench.house.count(8));
+    }
+
+    private static void slices() {
+        Bench bench = new Bench(1);
+        Code code = new Code().word(Code.byNumber(19, 8, 0, 8, 1)).word(Code.jumping(0, -4));
+        int thread = bench.enclave(0x8000, 256, 0, code);
+        bench.call(19, 3);
+        bench.call(5, thread, 0, 0);
+        bench.house.run(3);
+        check.is("three steps", 0, bench.house.count(8));
+        bench.house.run(1);
+        check.is("then the slice", "4 0 0", told(bench.house, 0));
+        check.is("INTERRUPTED", 3, bench.house.thread(thread, 0));
+        check.is("what it did", 2, bench.house.inside(thread, 8));
+        bench.call(6, thread, 0);
+        bench.house.call(1, 19, 1, 0, 0, 0);
+        bench.house.run(3);
+        check.is("three more", 0, bench.house.count(8));
+        bench.house.line(true);
+        bench.house.setControl(0, 0x104, 512);
+        bench.house.run(1);
+        check.is("an interrupt comes ahead of it", "2 0 0", told(bench.house, 0));
+        bench.house.line(false);
+        bench.house.call(1, 6, thread, 0, 0, 0);
+        bench.house.run(1);
+        check.is("one step on hart 1", thread, bench.house.count(9));
+        bench.house.run(1);
+        check.is("the other hart's slice", "4 0 0", told(bench.house, 1));
+        bench.house.call(1, 19, 0, 0, 0, 0);
+        bench.house.call(1, 6, thread, 0, 0, 0);
+        bench.house.run(500);
+        check.is("no slice", thread, bench.house.count(9));
+    }
+
+    private static void handlers() {
+        Bench bench = new Bench(1);
+        Code code = new Code().call(43, 0x8080, 0).set(10, 51).set(11, 52).word(0).set(8, 1).word(0);
+        while (code.size() < 0x80) {
+            code.word(0);
+        }
+        code.word(Code.byNumber(19, 20, 0, 10, 0)).word(Code.byNumber(19, 21, 0, 11, 0))
+            .set(10, 4).set(17, 44).word(Code.CALL);
+        int thread = bench.enclave(0x8000, 256, 0, code);
+        bench.call(5, thread, 0, 0);
+        bench.house.run(12);
+        check.is("handled", 0x8080, bench.house.inside(thread, 32));
+        check.is("the exception", 2, bench.house.inside(thread, 10));
+        check.is("where it was", 0x802c, bench.house.inside(thread, 11));
+        bench.house.run(7);
+        check.is("back behind it", 0x8030, bench.house.inside(thread, 32));
+        check.is("x10 and x11 as held", "51 52", bench.house.inside(thread, 10) + " " + bench.house.inside(thread, 11));
+        check.is("the handler saw", "2 32812", bench.house.inside(thread, 20) + " " + bench.house.inside(thread, 21));
+        check.is("no event", 0, bench.house.count(5));
+        bench.house.run(3);
+        check.is("the handler is as held", 0x8080, bench.house.inside(thread, 32));
+        check.is("handled again", 0x8038, bench.house.inside(thread, 11));
+        bench.house.secret(0, 0x80, 0);
+        bench.house.run(1);
+        check.is("a fault in the handler", "3 2 0", told(bench.house, 0));
+    }
+
+    private static void refusedReturns() {
+        Bench bench = new Bench(1);
+        int thread = bench.enclave(0x8000, 256, 0, new Code().callTo(20, 44, 4, 0).callTo(21, 43, 0x8082, 0)
+            .callTo(22, 43, 0x807c, 0).callTo(23, 43, 0, 0).word(0));
+        bench.enter(thread, 0, 0);
+        check.is("nothing is held", -1, bench.house.inside(thread, 20));
+        check.is("a handler at no multiple of 4", -1, bench.house.inside(thread, 21));
+        check.is("a handler", 0, bench.house.inside(thread, 22));
+        check.is("none", 0, bench.house.inside(thread, 23));
+        check.is("so it is a fault", "3 2 0", told(bench.house, 0));
+        bench = new Bench(1);
+        Code code = new Code().call(43, 0x8000 + 32, 0).word(0).callTo(20, 44, 2, 0).exit(9);
+        thread = bench.enclave(0x8000, 256, 0, code);
+        bench.enter(thread, 0, 0);
+        check.is("no multiple of 4", -1, bench.house.inside(thread, 20));
+        check.is("it went on", "0 9 0", told(bench.house, 0));
+    }
+
+    private static void acceptance() {
+        Bench bench = new Bench(1);
+        Code code = new Code();
+        for (int i = 0; i < 6; i++) {
+            code.callTo(20 + i, 38, i, 0);
+        }
+        code.callTo(26, 38, 1, 0).callTo(27, 38, 12, 0).callTo(28, 38, -1, 0).exit(0);
+        int thread = bench.enclave(0x8000, 512, 0, code);
+        bench.call(9, 0, 0xa000, 256);
+        bench.call(20, 0, 0xb000, 256);
+        bench.call(1, 0x9000, 256);
+        bench.call(10, 1, 0, 0xc000, 256);
+        bench.call(9, 1, 0xd000, 256);
+        bench.enter(thread, 0, 0);
+        int[] due = {-1, 0, 0, -1, 0, -1, -2, -1, -1};
+        for (int i = 0; i < due.length; i++) {
+            check.is("ACCEPT number " + i, due[i], bench.house.inside(thread, 20 + i));
+        }
+        check.is("who accepted", "0 1 1 0 2 0", accepted(bench));
+        check.is("events", "5: 1 0 0, 5: 2 0 0, 5: 4 0 0", bench.brief(0) + ", " + bench.brief(1) + ", " + bench.brief(2));
+    }
+
+    private static String accepted(Bench bench) {
+        StringBuilder text = new StringBuilder();
+        for (int i = 0; i < 6; i++) {
+            text.append(i == 0 ? "" : " ").append(bench.house.region(i, 5));
+        }
+        return text.toString();
+    }
+
+    private static void entriesOfThreads() {
+        Bench bench = new Bench(1);
+        bench.call(1, 0x9000, 256);
+        int shared = bench.call(9, 0, 0xd000, 256);
+        int thread = bench.enclave(0x8000, 512, 0, new Code().call(38, 4, 0).call(38, 3, 0)
+            .set(5, 0xb000).word(Code.byNumber(103, 0, 0, 5, 0)));
+        check.is("regions so far", 1, shared);
+        bench.call(20, 1, 0xb000, 256);
+        bench.call(9, 1, 0xa000, 256);
+        bench.call(9, 1, 0xe000, 256);
+        bench.call(5, thread, 0, 0);
+        check.is("nothing accepted", "8000 200 7, -1", entries(bench));
+        bench.house.run(7);
+        check.is("SHARED", "8000 200 7, a000 100 3, -1", entries(bench));
+        bench.house.run(7);
+        check.is("EXTRA", "8000 200 7, b000 100 7, a000 100 3, -1", entries(bench));
+        bench.house.run(4);
+        check.is("EXTRA can be fetched from, and is 0", "3 2 0", told(bench.house, 0));
+        check.is("the system's entries again", 0x9000, bench.house.entry(0, 0, 0));
+    }
+
+    private static String entries(Bench bench) {
+        StringBuilder text = new StringBuilder();
+        int i = 0;
+        for (; bench.house.entry(0, i, 0) >= 0; i++) {
+            text.append(Integer.toHexString(bench.house.entry(0, i, 0))).append(' ')
+                .append(Integer.toHexString(bench.house.entry(0, i, 1))).append(' ')
+                .append(bench.house.entry(0, i, 2)).append(", ");
+        }
+        return text.append(bench.house.entry(0, i, 2)).toString();
+    }
+
+    private static void storesAreTold() {
+        Bench bench = new Bench(1);
+        Code code = new Code().call(38, 1, 0).set(5, 0xa000).set(6, -2).store(0, 5, 6, 1).store(1, 5, 6, 2)
+            .store(2, 5, 6, 4).word(Code.inMemory(0, 7, 5, 6)).word(Code.inMemory(2, 7, 5, 0))
+            .word(Code.inMemory(3, 7, 5, 6)).word(Code.inMemory(3, 7, 5, 6)).set(5, 0x80c0).store(2, 5, 6, 0)
+            .set(5, 0xa000).word(Code.byNumber(103, 0, 0, 5, 0));
+        int thread = bench.enclave(0x8000, 256, 0, code);
+        bench.call(9, 0, 0xa000, 256);
+        bench.enter(thread, 0, 0);
+        String[] due = {
+            "5: 1 0 0", "4: 40961 254 1", "4: 40962 65534 2", "4: 40964 -2 4", "4: 40960 " + (0xfffefe00 - 2) + " 4",
+            "4: 40960 -2 4", "3: 1 0 0"
+        };
+        for (int i = 0; i < due.length; i++) {
+            check.is("event " + i, due[i], bench.brief(i));
+        }
+        check.is("in all", due.length, bench.house.count(5));
+        check.is("the system sees it", -2, bench.house.word(0xa004));
+        check.is("none such", "0 0 0 0 0 0 0 0", bench.event(due.length));
+        check.is("none such", 0, bench.house.event(-1, 0) | bench.house.event(0, 8) | bench.house.event(0, -1));
+    }
+
+    private static void eventsKept() {
+        Bench bench = new Bench(1);
+        Code code = new Code().call(38, 1, 0).set(5, 0xa000).store(2, 5, 6, 0).word(Code.byNumber(19, 6, 0, 6, 1))
+            .word(Code.jumping(0, -8));
+        int thread = bench.enclave(0x8000, 256, 0, code);
+        bench.call(9, 0, 0xa000, 256);
+        bench.call(5, thread, 0, 0);
+        bench.house.run(2000);
+        bench.house.run(1500);
+        check.is("in all", 1165, bench.house.count(5));
+        check.is("the last one kept", "4: 40960 998 4", bench.brief(999));
+        check.is("not kept", 0, bench.house.event(1000, 0));
+    }
+
+    private static void reservations() {
+        Bench bench = new Bench(1);
+        int thread = bench.enclave(0x8000, 256, 0, new Code().exit(0));
+        bench.stillHart1();
+        bench.system(0x100, new Code().set(5, 0x2000).word(Code.inMemory(2, 7, 5, 0)).word(Code.inMemory(3, 8, 5, 0)));
+        bench.house.run(3);
+        bench.enter(thread, 0, 0);
+        bench.house.run(1);
+        check.is("lost when a THREAD ran", 1, bench.house.register(0, 8));
+        bench = new Bench(1);
+        Code code = new Code().call(38, 1, 0).set(5, 0xa000).word(Code.inMemory(2, 7, 5, 0))
+            .word(Code.jumping(0, 4)).word(Code.inMemory(3, 8, 5, 0)).exit(0);
+        thread = bench.enclave(0x8000, 256, 0, code);
+        bench.call(9, 0, 0xa000, 256);
+        bench.stillHart1();
+        bench.call(5, thread, 0, 0);
+        bench.house.run(10);
+        bench.house.poke(0xa000, 0, 0, 0, 0, 0);
+        bench.house.run(2);
+        check.is("lost when the system stores", 1, bench.house.inside(thread, 8));
+        bench = new Bench(1);
+        Code own = new Code().set(5, 0x80c0).word(Code.inMemory(2, 7, 5, 0)).word(Code.inMemory(3, 8, 5, 0)).exit(0);
+        thread = bench.enclave(0x8000, 256, 0, own);
+        bench.call(5, thread, 0, 0);
+        bench.house.run(3);
+        bench.house.secret(0, 0xc0, 7);
+        bench.house.setRegister(0, 8, 5);
+        bench.house.run(1);
+        check.is("not lost by secret()", 0, bench.house.inner(0x80c0));
+    }
+
+    private static void illegalInside() {
+        int[] words = {
+            Code.LEAVE_TRAP, Code.WAIT, Code.byRegister(115, 0, 0, 0, 0, 9), Code.control(7, 2, 0, 0x100),
+            Code.control(7, 2, 0, 0xf14), Code.control(7, 1, 0, 0xc01), Code.control(7, 2, 5, 0xc01)
+        };
+        for (int word : words) {
+            check.is("illegal inside: " + Integer.toHexString(word), 2, faultAt(new Code().word(word)));
+        }
+        Bench bench = new Bench(1);
+        int thread = bench.enclave(0x8000, 256, 0, new Code().word(Code.NOTHING).word(Code.control(7, 2, 0, 0xc01))
+            .call(31, 0, 0).word(Code.byNumber(19, 8, 0, 10, 0)).call(51, 0, 0).exit(0));
+        bench.enter(thread, 0, 0);
+        check.is("TIME inside", 1, bench.house.inside(thread, 7));
+        check.is("no such call", -1, bench.house.inside(thread, 8));
+    }
+}
