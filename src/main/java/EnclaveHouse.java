@@ -377,6 +377,11 @@ public final class EnclaveHouse {
         return hart >= 0 && hart < HARTS;
     }
 
+    /** Less, as without sign. */
+    private static boolean isBelow(int left, int right) {
+        return (left ^ Integer.MIN_VALUE) < (right ^ Integer.MIN_VALUE);
+    }
+
     /**
      * SHA-256 and HMAC as published. A digest is a row of eight words, the highest byte of each
      * being the earliest.
@@ -850,7 +855,7 @@ public final class EnclaveHouse {
         }
 
         int pending(Devices devices) {
-            boolean timer = Integer.compareUnsigned(devices.time, compare) >= 0;
+            boolean timer = !isBelow(devices.time, compare);
             return signal | (timer ? 1 << 5 : 0) | (devices.wantsTheSystem() ? 1 << 9 : 0);
         }
 
@@ -1662,7 +1667,7 @@ public final class EnclaveHouse {
             } else if (f < 6) {
                 holds = left < right;
             } else {
-                holds = Integer.compareUnsigned(left, right) < 0;
+                holds = isBelow(left, right);
             }
             if (holds == ((f & 1) == 0)) {
                 goTo(pc + offsetB(word));
@@ -1750,7 +1755,7 @@ public final class EnclaveHouse {
                 case 0: return left + right;
                 case 1: return left << (right & 31);
                 case 2: return left < right ? 1 : 0;
-                case 3: return Integer.compareUnsigned(left, right) < 0 ? 1 : 0;
+                case 3: return isBelow(left, right) ? 1 : 0;
                 case 4: return left ^ right;
                 case 5: return signed ? left >> (right & 31) : left >>> (right & 31);
                 case 6: return left | right;
@@ -1811,7 +1816,7 @@ public final class EnclaveHouse {
         }
 
         private static int combined(int kind, int was, int right) {
-            boolean belowU = Integer.compareUnsigned(was, right) < 0;
+            boolean belowU = isBelow(was, right);
             switch (kind) {
                 case 0: return was + right;
                 case 4: return was ^ right;

@@ -15,6 +15,7 @@ public final class EnclaveTest {
         entriesOfThreads();
         storesAreTold();
         eventsKept();
+        atPlaceZero();
         reservations();
         illegalInside();
         check.end();
@@ -204,10 +205,11 @@ public final class EnclaveTest {
     private static void refusedReturns() {
         Bench bench = new Bench(1);
         int thread = bench.enclave(0x8000, 256, 0, new Code().callTo(20, 44, 4, 0).callTo(21, 43, 0x8082, 0)
-            .callTo(22, 43, 0x807c, 0).callTo(23, 43, 0, 0).word(0));
+            .callTo(24, 43, 0x8081, 0).callTo(22, 43, 0x807c, 0).callTo(23, 43, 0, 0).word(0));
         bench.enter(thread, 0, 0);
         check.is("nothing is held", -1, bench.house.inside(thread, 20));
         check.is("a handler at no multiple of 4", -1, bench.house.inside(thread, 21));
+        check.is("a handler at an odd place", -1, bench.house.inside(thread, 24));
         check.is("a handler", 0, bench.house.inside(thread, 22));
         check.is("none", 0, bench.house.inside(thread, 23));
         check.is("so it is a fault", "3 2 0", told(bench.house, 0));
@@ -315,6 +317,21 @@ public final class EnclaveTest {
         check.is("in all", 1165, bench.house.count(5));
         check.is("the last one kept", "4: 40960 998 4", bench.brief(999));
         check.is("not kept", 0, bench.house.event(1000, 0));
+    }
+
+    private static void atPlaceZero() {
+        Bench bench = new Bench(1);
+        int thread = bench.enclave(0, 256, 0, new Code().load(2, 7, 0, 0).store(2, 0, 0, 0).exit(3));
+        int first = bench.house.inner(0);
+        bench.enter(thread, 0, 0);
+        check.is("its own first word", first, bench.house.inside(thread, 7));
+        check.is("it stored there", 0, bench.house.inner(0));
+        check.is("no event of that", "1: 3 0 0", bench.brief(0));
+        bench = new Bench(1);
+        thread = bench.enclave(0x8000, 256, 0, new Code().call(38, 1, 0).store(1, 0, 10, 0).exit(3));
+        bench.call(9, 0, 0, 256);
+        bench.enter(thread, 0, 0);
+        check.is("a shared region at 0", "4: 0 0 2", bench.brief(1));
     }
 
     private static void reservations() {

@@ -85,6 +85,9 @@ public final class InstructionTest {
         gives("left", register(1, 0), 1, 33, 2);
         gives("less", register(2, 0), MIN, 0, 1);
         gives("less U", register(3, 0), MIN, 0, 0);
+        gives("less U", register(3, 0), 0, MIN, 1);
+        gives("less U", register(3, 0), -5, -5, 0);
+        gives("less", register(2, 0), 6, 6, 0);
         gives("xor", register(4, 0), 12, 10, 6);
         gives("right U", register(5, 0), -1, 63, 1);
         gives("right", register(5, 32), MIN, 30, -2);
@@ -171,6 +174,8 @@ public final class InstructionTest {
         check.is("the upper two bytes", 0xffff8001, house.register(0, 7));
         check.is("the upper byte", -128, house.register(0, 8));
         check.is("byte 1", 0xf3, house.register(0, 9));
+        gives("the first word of memory", Code.byNumber(3, 7, 2, 5, 0), 0, 0, 0);
+        gives("the last byte of memory", Code.byNumber(3, 7, 0, 5, 0), 131071, 0, 0);
         traps("two bytes at an odd address", done(Code.byNumber(3, 7, 1, 5, 1), 0x2000, 0), 4, 0x2001);
         traps("a word at no multiple of 4", done(Code.byNumber(3, 7, 2, 5, 2), 0x2000, 0), 4, 0x2002);
         traps("a byte behind memory", done(Code.byNumber(3, 7, 0, 5, 0), 131072, 0), 5, 131072);
@@ -247,6 +252,14 @@ public final class InstructionTest {
         house.call(0, 9, 0, 0x2000, 256, 0);
         house.run(1);
         check.is("sharing makes nothing 0", 0, house.register(0, 8));
+        house = reserving();
+        house.run(1);
+        house.boot(0);
+        house.poke(AT, Code.inMemory(3, 8, 5, 6), 0, 0, 0, 0);
+        house.setRegister(0, 5, 0x2000);
+        house.place(0, AT, 1);
+        house.run(1);
+        check.is("boot leaves none", 1, house.register(0, 8));
         traps("3 is a store, also where nothing is stored", done(Code.inMemory(3, 7, 5, 6), 131072, 0), 7, 131072);
         traps("3 at no multiple of 4", done(Code.inMemory(3, 7, 5, 6), 0x2002, 0), 6, 0x2002);
         traps("2 at no multiple of 4", done(Code.inMemory(2, 7, 5, 0), 0x2001, 0), 4, 0x2001);

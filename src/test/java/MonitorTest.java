@@ -140,6 +140,8 @@ public final class MonitorTest {
             for (int now : versions) {
                 house.boot(now);
                 pokeBytes(house, 131072 - 140, Bench.join(new byte[12], made));
+                pokeBytes(house, 0, Bench.join(made, new byte[12]));
+                check.is("at place 0", version == now, house.genuine(0));
                 check.is("made by " + version + ", now " + now, version == now, house.genuine(131072 - 128));
             }
             EnclaveHouse other = new EnclaveHouse(SEED + 1);
