@@ -80,6 +80,7 @@ public final class MachineTest {
         check.is("one word too far", -1, house.poke(131056, 1, 1, 1, 1, 1));
         check.is("nothing came", 7, house.word(131056));
         check.is("no multiple of 4", -1, house.poke(2, 1, 1, 1, 1, 1));
+        check.is("an odd place", -1, house.poke(1, 1, 1, 1, 1, 1));
         check.is("below 0", -1, house.poke(-4, 1, 1, 1, 1, 1));
         check.is("far off", -1, house.poke(0x7ffffffc, 1, 1, 1, 1, 1));
         house.call(0, 1, 0x8000, 256, 0, 0);
@@ -124,6 +125,13 @@ public final class MachineTest {
         check.is("it was 0", 0, house.secret(0, 5, 200));
         check.is("it was 200", 200, house.secret(0, 5, 0x12));
         check.is("the word of it", 0x1200, house.inner(0x8004));
+        house.secret(0, 6, 0x34);
+        house.secret(0, 5, 0x56);
+        check.is("one byte alone", 0x345600, house.inner(0x8004));
+        house.secret(0, 6, 0);
+        house.secret(0, 5, 0x12);
+        check.is("the first one", 0, house.secret(0, 0, 3));
+        check.is("the first one", 3, house.secret(0, 0, 0));
         check.is("the last one", 0, house.secret(0, 255, 255));
         check.is("the word of it", 0xff000000, house.inner(0x80fc));
         check.is("no offset", -1, house.secret(0, 256, 1));
@@ -161,6 +169,7 @@ public final class MachineTest {
         check.is("no mode", -1, house.place(0, 8, 2));
         check.is("no mode", -1, house.place(0, 8, -1));
         check.is("no multiple of 4", -1, house.place(0, 6, 1));
+        check.is("an odd place", -1, house.place(0, 9, 1));
         check.is("nothing came of it", 0, house.count(14));
         house.poke(0, Code.WAIT, 0, 0, 0, 0);
         house.run(1);

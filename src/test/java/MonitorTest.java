@@ -12,6 +12,7 @@ public final class MonitorTest {
         measurement();
         reports();
         reportsOfOthers();
+        reportsOverTheEdge();
         keys();
         randoms();
         selfAndLog();
@@ -66,6 +67,7 @@ public final class MonitorTest {
         for (int[] one : bad) {
             check.is("no digest", 0, house.digest(one[0], one[1], one[2]));
         }
+        check.is("from 0 on", Bench.word(Bench.sha(new byte[9]), 2), house.digest(0, 9, 2));
         check.is("of nothing, at the end", Bench.word(Bench.sha(), 0), house.digest(131072, 0, 0));
         bench.enclave(BASE, 256, 0, new Code().exit(1));
         check.is("an enclave shows as 0", Bench.word(Bench.sha(new byte[256]), 1), bench.house.digest(BASE, 256, 1));
@@ -149,6 +151,25 @@ public final class MonitorTest {
             pokeBytes(other, 0, Bench.join(made, new byte[12]));
             check.is("another machine's", false, other.genuine(0));
         }
+    }
+
+    /** Of a REPORT whose first and last bytes are 0 the rest is none, though nothing follows it in memory. */
+    private static void reportsOverTheEdge() {
+        byte[] body = new byte[96];
+        byte[] seal = Bench.mac(Bench.root(SEED, 0), Bench.numbers(5), body);
+        for (int i = 1; i < 100000 && seal[31] != 0; i++) {
+            body[1] = (byte) i;
+            body[2] = (byte) (i >> 8);
+            seal = Bench.mac(Bench.root(SEED, 0), Bench.numbers(5), body);
+        }
+        byte[] made = Bench.join(body, seal);
+        EnclaveHouse house = new EnclaveHouse(SEED);
+        pokeBytes(house, 131072 - 140, Bench.join(new byte[13], Arrays.copyOf(made, 127)));
+        pokeBytes(house, 0, Bench.join(Arrays.copyOfRange(made, 1, 128), new byte[13]));
+        check.is("its last byte would be behind memory", false, house.genuine(131072 - 127));
+        check.is("its first byte would be ahead of memory", false, house.genuine(-1));
+        pokeBytes(house, 0x1000, Bench.join(made, new byte[12]));
+        check.is("all of it", true, house.genuine(0x1000));
     }
 
     /** Pokes a multiple of 20 bytes. */
