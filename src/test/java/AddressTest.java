@@ -87,6 +87,13 @@ public final class AddressTest {
         house.setRegister(0, 5, 0x4ffc);
         house.run(1);
         check.is("bits 11 .. 0 are the address's", 55, house.register(0, 7));
+        house = mapped(leaf(0x5000, 0xc7), 0, Code.byNumber(3, 7, 4, 5, 1));
+        house.run(1);
+        check.is("a byte at an odd address", 1234 >> 8, house.register(0, 7));
+        house = mapped(leaf(0, 0xc7), 0, LOAD);
+        house.poke(0, 99, 0, 0, 0, 0);
+        house.run(1);
+        check.is("place 0", 99, house.register(0, 7));
         house = mapped(leaf(0x5000, 0xc7), 0, Code.byNumber(3, 7, 2, 5, 2));
         house.run(1);
         check.is("alignment comes ahead of the walk", 4, house.control(0, 0x142));

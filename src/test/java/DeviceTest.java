@@ -7,6 +7,7 @@ public final class DeviceTest {
         toMemory();
         fromMemory();
         inOrder();
+        oneByOne();
         failures();
         dmaTakesReservations();
         keysForTheSystem();
@@ -24,6 +25,8 @@ public final class DeviceTest {
         check.is("it was 255", 255, house.disk(0, 0, 1));
         check.is("it stays", 1, house.disk(0, 0, -1));
         check.is("it stayed", 1, house.disk(0, 0, -1));
+        check.is("to 0", 1, house.disk(0, 0, 0));
+        check.is("it is 0", 0, house.disk(0, 0, 1));
         check.is("the last one", 0, house.disk(31, 255, 9));
         check.is("the last one", 9, house.disk(31, 255, -1));
         int[][] bad = {{32, 0, 1}, {-1, 0, 1}, {0, 256, 1}, {0, -1, 1}, {0, 0, 256}, {0, 0, -2}};
@@ -56,6 +59,11 @@ public final class DeviceTest {
         check.is("told", 0, house.count(17));
         check.is("no more pending", 0, house.control(0, 0x144));
         check.is("TOLD again", 0, bench.call(15));
+        bench.call(14, 0, 4, 0x2000);
+        house.run(4);
+        check.is("the next one waits as long", 1, house.count(7));
+        house.run(1);
+        check.is("and is done", 0x44, house.word(0x2000));
     }
 
     private static void fromMemory() {
@@ -89,22 +97,38 @@ public final class DeviceTest {
         check.is("TOLD", 4, bench.call(15));
     }
 
+    /** Each waits from when it came, also when others go ahead of it. */
+    private static void oneByOne() {
+        Bench bench = new Bench(1);
+        bench.call(14, 0, 0, 0x2000);
+        bench.house.run(4);
+        bench.call(14, 0, 0, 0x2000);
+        bench.house.run(1);
+        check.is("the first is done", "1 1", bench.house.count(7) + " " + bench.house.count(17));
+        bench.house.run(3);
+        check.is("the second waits", "1 1", bench.house.count(7) + " " + bench.house.count(17));
+        bench.house.run(1);
+        check.is("the second is done", "0 2", bench.house.count(7) + " " + bench.house.count(17));
+    }
+
     private static void failures() {
         Bench bench = new Bench(1);
         bench.house.disk(0, 0, 1);
         bench.call(14, 0, 0, 0x8000 - 252);
         bench.call(14, 1, 1, 0x8000);
         bench.call(14, 0, 0, 0x9000);
+        bench.call(14, 0, 0, 0x7f00);
         bench.call(1, 0x8000, 256);
         bench.call(9, 0, 0x9000, 256);
         bench.house.secret(0, 0, 99);
-        bench.house.run(7);
-        check.is("done", 3, bench.house.count(17));
+        bench.house.run(8);
+        check.is("right ahead of an enclave", 1, bench.house.word(0x7f00));
+        check.is("done", 4, bench.house.count(17));
         check.is("failed", 2, bench.house.count(18));
         check.is("nothing came", 0, bench.house.word(0x8000 - 252));
         check.is("nothing went", 0, bench.house.disk(1, 0, -1));
         check.is("a shared region is open", 1, bench.house.word(0x9000));
-        check.is("TOLD", 3 + 2 * 256, bench.call(15));
+        check.is("TOLD", 4 + 2 * 256, bench.call(15));
         check.is("told", 0, bench.house.count(18));
     }
 

@@ -11,6 +11,10 @@ public final class EnclaveTest {
         slices();
         handlers();
         refusedReturns();
+        enteredAgain();
+        returnsOnce();
+        regionZero();
+        reservationsOfOneWord();
         acceptance();
         entriesOfThreads();
         storesAreTold();
@@ -155,6 +159,7 @@ public final class EnclaveTest {
         check.is("then the slice", "4 0 0", told(bench.house, 0));
         check.is("INTERRUPTED", 3, bench.house.thread(thread, 0));
         check.is("what it did", 2, bench.house.inside(thread, 8));
+        check.is("its PC", 0x8004, bench.house.inside(thread, 32));
         bench.call(6, thread, 0);
         bench.house.call(1, 19, 1, 0, 0, 0);
         bench.house.run(3);
@@ -214,11 +219,92 @@ public final class EnclaveTest {
         check.is("none", 0, bench.house.inside(thread, 23));
         check.is("so it is a fault", "3 2 0", told(bench.house, 0));
         bench = new Bench(1);
-        Code code = new Code().call(43, 0x8000 + 32, 0).word(0).callTo(20, 44, 2, 0).exit(9);
+        Code code = new Code().call(43, 0x8000 + 32, 0).word(0).callTo(20, 44, 2, 0).callTo(21, 44, 1, 0).exit(9);
         thread = bench.enclave(0x8000, 256, 0, code);
         bench.enter(thread, 0, 0);
         check.is("no multiple of 4", -1, bench.house.inside(thread, 20));
+        check.is("an odd number", -1, bench.house.inside(thread, 21));
         check.is("it went on", "0 9 0", told(bench.house, 0));
+    }
+
+    /** ENTERED again a THREAD has no HANDLER, and nothing is HELD. */
+    private static void enteredAgain() {
+        Bench bench = new Bench(1);
+        // With x10 = 0: a handler, then an exception, and the handler EXITS; with x10 = 1: RETURN, then an exception.
+        Code code = new Code().word(Code.branching(1, 10, 0, 64)).call(43, 0x8000 + 36, 0).word(0).exit(1);
+        check.is("behind the first half", 64, code.size());
+        code.callTo(20, 44, 4, 0).word(0);
+        int thread = bench.enclave(0x8000, 256, 0, code);
+        bench.enter(thread, 0, 0);
+        check.is("EXIT of the handler", "0 1 0", told(bench.house, 0));
+        bench.enter(thread, 1, 0);
+        check.is("nothing is HELD", -1, bench.house.inside(thread, 20));
+        check.is("there is no handler", "3 2 0", told(bench.house, 0));
+        bench = new Bench(1);
+        Code handler = new Code().word(Code.branching(1, 10, 0, 64)).call(43, 0x8080, 0).exit(1);
+        while (handler.size() < 64) {
+            handler.word(Code.NOTHING);
+        }
+        thread = bench.enclave(0x8000, 256, 0, handler.word(0));
+        bench.enter(thread, 0, 0);
+        check.is("EXIT with a handler", "0 1 0", told(bench.house, 0));
+        bench.enter(thread, 1, 0);
+        check.is("there is no handler", "3 2 0", told(bench.house, 0));
+    }
+
+    private static void returnsOnce() {
+        Bench bench = new Bench(1);
+        Code code = new Code().call(43, 0x8080, 0).word(0).callTo(20, 44, 4, 0).exit(1);
+        while (code.size() < 0x80) {
+            code.word(Code.NOTHING);
+        }
+        int thread = bench.enclave(0x8000, 256, 0, code.call(44, 4, 0));
+        bench.enter(thread, 0, 0);
+        check.is("nothing is HELD behind a RETURN", -1, bench.house.inside(thread, 20));
+        check.is("it went on", "0 1 0", told(bench.house, 0));
+    }
+
+    private static void regionZero() {
+        Bench bench = new Bench(1);
+        bench.call(1, 0x9000, 256);
+        Code code = new Code().callTo(20, 38, 0, 0).set(5, 0xa000).store(0, 5, 5, 0).word(Code.jumping(0, 0));
+        int thread = bench.enclave(0x8000, 256, 0, code);
+        bench.call(8, 0);
+        check.is("REGION 0 is shared now", 0, bench.call(9, 1, 0xa000, 256));
+        bench.house.call(1, 5, thread, 0, 0, 0);
+        bench.house.run(20);
+        check.is("ACCEPT", 0, bench.house.inside(thread, 20));
+        check.is("on hart 1", "5 6 1 0 1 0 0 0", bench.event(0));
+        check.is("its store", "4 10 1 0 1 40960 0 1", bench.event(1));
+        check.is("its entries", "32768 40960 -1", bench.house.entry(1, 0, 0) + " " + bench.house.entry(1, 1, 0) + " "
+            + bench.house.entry(1, 2, 0));
+        bench = new Bench(1);
+        thread = bench.enclave(0x8000, 256, 0, new Code().word(Code.jumping(0, 0)));
+        bench.call(5, thread, 0, 0);
+        check.is("an enclave in REGION 0", "32768 256 7 -1", bench.house.entry(0, 0, 0) + " "
+            + bench.house.entry(0, 0, 1) + " " + bench.house.entry(0, 0, 2) + " " + bench.house.entry(0, 1, 0));
+    }
+
+    /** A RESERVATION goes with the THREAD'S beginning, and with its end. */
+    private static void reservationsOfOneWord() {
+        Bench bench = new Bench(1);
+        Code code = new Code().call(38, 1, 0).set(5, 0xa000).set(10, 0).set(17, 33).word(Code.CALL)
+            .word(Code.inMemory(3, 8, 5, 5)).word(Code.inMemory(2, 9, 5, 0)).word(Code.CALL);
+        int thread = bench.enclave(0x8000, 256, 0, code);
+        bench.call(9, 0, 0xa000, 256);
+        bench.stillHart1();
+        bench.enter(thread, 0, 0);
+        check.is("YIELDED", 4, bench.house.thread(thread, 0));
+        bench.system(0x100, new Code().set(5, 0xa000).word(Code.inMemory(2, 7, 5, 0)).word(Code.inMemory(3, 8, 5, 5)));
+        bench.house.run(3);
+        bench.call(6, thread, 0);
+        bench.house.run(1);
+        check.is("the system's is lost when it begins", 1, bench.house.inside(thread, 8));
+        bench.house.run(2);
+        check.is("it ceased", -1, bench.house.count(8));
+        bench.house.run(1);
+        check.is("its own is lost when it ceases", 1, bench.house.register(0, 8));
+        check.is("nothing was stored", 0, bench.house.word(0xa000));
     }
 
     private static void acceptance() {

@@ -91,6 +91,7 @@ public final class InstructionTest {
         gives("xor", register(4, 0), 12, 10, 6);
         gives("right U", register(5, 0), -1, 63, 1);
         gives("right", register(5, 32), MIN, 30, -2);
+        gives("right", register(5, 32), MIN, 31, -1);
         gives("or", register(6, 0), 12, 10, 14);
         gives("and", register(7, 0), 12, 10, 8);
     }
@@ -137,6 +138,8 @@ public final class InstructionTest {
         goes("J far back", Code.jumping(0, -0x100000), 0, 0, AT - 0x100000);
         goes("J with bit 11", Code.jumping(0, 0x800), 0, 0, AT + 0x800);
         traps("J to no multiple of 4", done(Code.jumping(7, 6), 0, 0), 0, AT + 6);
+        goes("to a register's place, from x31", Code.byNumber(103, 31, 0, 5, 4), 0x2000, 0, 0x2004);
+        goes("reserving by x31", Code.inMemory(2, 31, 31, 0), 0, 0, AT + 4);
         house = done(Code.byNumber(103, 5, 0, 5, 9), 0x2000, 0);
         check.is("to a register's place", 0x2008, house.count(14));
         check.is("the old one counted", AT + 4, house.register(0, 5));
@@ -228,6 +231,11 @@ public final class InstructionTest {
         house = reserving(Code.inMemory(3, 9, 5, 0));
         house.run(3);
         check.is("the second one has no reservation", 1, house.register(0, 8));
+        house = reserving(Code.inMemory(3, 9, 7, 0));
+        house.poke(0x2000, 0x3000, 0, 0, 0, 0);
+        house.run(3);
+        check.is("it was tried elsewhere", 1, house.register(0, 9));
+        check.is("so the reservation is gone", 1, house.register(0, 8));
         house = reserving(Code.storing(0, 5, 0, 3));
         house.run(3);
         check.is("a byte of it was stored", 1, house.register(0, 8));
@@ -246,6 +254,19 @@ public final class InstructionTest {
         house.call(0, 8, 0, 0, 0, 0);
         house.run(1);
         check.is("the monitor made it 0", 1, house.register(0, 8));
+        for (int beside : new int[] {0x1f00, 0x2100}) {
+            house = reserving();
+            house.run(1);
+            house.call(0, 1, beside, 256, 0, 0);
+            house.run(1);
+            check.is("the monitor made others 0", 0, house.register(0, 8));
+        }
+        house = reserving();
+        house.setRegister(0, 5, 0x2100);
+        house.run(1);
+        house.call(0, 1, 0x2000, 256, 0, 0);
+        house.run(1);
+        check.is("right behind what the monitor made 0", 0, house.register(0, 8));
         house = reserving();
         house.run(1);
         house.call(0, 1, 0x8000, 256, 0, 0);
@@ -283,6 +304,10 @@ public final class InstructionTest {
             check.is("in memory " + one[0] + ": the word", one[3], house.word(0x2000));
             check.is("in memory " + one[0] + ": what it was", one[1], house.register(0, 6));
         }
+        EnclaveHouse atZero = done(Code.inMemory(1, 7, 0, 6), 0, 44);
+        check.is("in memory at place 0", 44, atZero.word(0));
+        atZero = done(Code.inMemory(28, 7, 5, 6), 0x2000, -3);
+        check.is("the greater U", -3, atZero.word(0x2000));
         traps("in memory, at no multiple of 4", done(Code.inMemory(0, 7, 5, 6), 0x2002, 0), 6, 0x2002);
         traps("in memory, behind it", done(Code.inMemory(0, 7, 5, 6), 131072, 0), 7, 131072);
     }
@@ -348,6 +373,8 @@ public final class InstructionTest {
         illegal(0);
         illegal(-1);
         illegal(Code.byNumber(103, 7, 1, 5, 0));
+        illegal(Code.byNumber(103, 7, 4, 5, 0));
+        illegal(Code.inMemory(2, 7, 5, 16));
         illegal(Code.branching(2, 5, 6, 8));
         illegal(Code.branching(3, 5, 6, 8));
         for (int f : new int[] {3, 6, 7}) {

@@ -8,6 +8,7 @@ public final class MachineTest {
     public static void main(String[] args) {
         newObject();
         boot();
+        bootOfAll();
         poke();
         wordsOfMemory();
         secret();
@@ -69,6 +70,76 @@ public final class MachineTest {
         house.disk(3, 4, 99);
         house.boot(-1);
         check.is("the disk outlives boot", 99, house.disk(3, 4, -1));
+    }
+
+    /** Everything that boot() puts back is another before. */
+    private static void bootOfAll() {
+        Bench bench = new Bench(1);
+        EnclaveHouse house = bench.house;
+        long fresh = house.outside();
+        Code code = new Code().call(38, 1, 0).call(45, 0, 0).call(47, 65, 0).word(Code.jumping(0, 0));
+        int thread = bench.enclave(0x8000, 256, 1, code);
+        bench.call(9, 0, 0x9000, 256);
+        house.poke(0x500, Code.WAIT, 7, 7, 7, 7);
+        house.poke(131052, 1, 2, 3, 4, 5);
+        bench.call(5, thread, 0, 0);
+        house.type(5);
+        house.run(30);
+        house.type(6);
+        house.call(1, 14, 0, 0, 0x8000, 0);
+        house.run(5);
+        house.call(1, 14, 0, 0, 0, 0);
+        house.call(1, 12, 65, 0, 0, 0);
+        for (int hart = 0; hart < 2; hart++) {
+            for (int control : CONTROLS) {
+                house.setControl(hart, control, 0x12345);
+            }
+            for (int n = 1; n < 32; n++) {
+                house.setRegister(hart, n, n);
+            }
+        }
+        // Neither is woken or interrupted by what is pending.
+        house.setControl(0, 0x104, 32);
+        house.setControl(1, 0x104, 32);
+        house.setControl(1, 0x180, 0);
+        house.place(0, 0x700, 0);
+        house.place(1, 0x500, 1);
+        house.call(1, 19, 9, 0, 0, 0);
+        house.run(1);
+        check.is("before: hart 1 waits, hart 0 runs", "1 0", house.count(11) + " " + house.count(8));
+        check.is("before: DMAs", "1 1 1", house.count(7) + " " + house.count(17) + " " + house.count(18));
+        house.boot(0);
+        for (int what = 0; what < 23; what++) {
+            int due = what == 8 || what == 9 || what == 20 ? -1 : what == 12 || what == 13 ? 1 : 0;
+            check.is("count(" + what + ") behind boot", due, house.count(what));
+        }
+        for (int hart = 0; hart < 2; hart++) {
+            for (int control : CONTROLS) {
+                int first = control == 0x14d ? -1 : control == 0xf14 ? hart : 0;
+                check.is("control " + control + " behind boot", first, house.control(hart, control));
+            }
+        }
+        check.is("outside behind boot", fresh, house.outside());
+        check.is("no event", 0, house.event(0, 0));
+        check.is("no thread", 0, house.thread(thread, 0) + house.inside(thread, 32));
+        check.is("no panel", -1, house.panel(0));
+        check.is("no console", -1, house.console(0));
+        check.is("the first round", 1, house.run(1));
+        check.is("both harts trap", "2 2", house.control(0, 0x142) + " " + house.control(1, 0x142));
+        logBehindBoot();
+    }
+
+    private static void logBehindBoot() {
+        Bench bench = new Bench(1);
+        bench.call(1, 0, 256);
+        bench.house.boot(0);
+        int thread = bench.enclave(0x8000, 256, 0, new Code().call(50, 0x80c0, 0).exit(0));
+        bench.enter(thread, 0, 0);
+        int seen = bench.house.inner(0x80c0);
+        bench = new Bench(1);
+        thread = bench.enclave(0x8000, 256, 0, new Code().call(50, 0x80c0, 0).exit(0));
+        bench.enter(thread, 0, 0);
+        check.is("the LOG begins again", bench.house.inner(0x80c0), seen);
     }
 
     private static void poke() {

@@ -19,6 +19,7 @@ public final class MonitorTest {
         records();
         mail();
         mailRefusals();
+        nothingIsLeftOfAnEnclave();
         counters();
         countersAreFull();
         countersOutliveBoot();
@@ -126,10 +127,17 @@ public final class MonitorTest {
         check.is("genuine beside it", false, bench.house.genuine(0xa000));
         check.is("genuine below 0", false, bench.house.genuine(-1));
         check.is("genuine at the end", false, bench.house.genuine(131072 - 127));
-        int word = bench.house.word(0xa080);
-        bench.house.poke(0xa080, word ^ 1, bench.house.word(0xa084), bench.house.word(0xa088),
-            bench.house.word(0xa08c), bench.house.word(0xa090));
-        check.is("one bit is another", false, bench.house.genuine(0xa001));
+        for (int at = 0xa004; at <= 0xa080; at += 4) {
+            flip(bench.house, at);
+            check.is("one bit is another", false, bench.house.genuine(0xa001));
+            flip(bench.house, at);
+        }
+        check.is("as it was", true, bench.house.genuine(0xa001));
+    }
+
+    private static void flip(EnclaveHouse house, int at) {
+        house.poke(at, house.word(at) ^ 1, house.word(at + 4), house.word(at + 8), house.word(at + 12),
+            house.word(at + 16));
     }
 
     private static void reportsOfOthers() {
@@ -319,6 +327,27 @@ public final class MonitorTest {
         same("who sent it", measured(bench, 1), bench.innerBytes(DATA + 32, 32));
         same("nothing is written", new byte[64], bench.innerBytes(DATA + 64, 64));
         check.is("events", "7: 1 0 0, 7: 0 0 0", bench.brief(9) + ", " + bench.brief(10));
+    }
+
+    private static void nothingIsLeftOfAnEnclave() {
+        Bench bench = new Bench(SEED);
+        bench.enclave(BASE, 1024, 0, mailCode());
+        int sender = bench.enclave(0x9000, 1024, 0, new Code().call(40, 0, 0x9300).call(49, 0x9300, 0)
+            .call(34, 0x9300, 0x9340).exit(0));
+        bench.enter(sender, 0, 0);
+        byte[] measurement = measured(bench, 1);
+        for (int i = 0; i < 2; i++) {
+            bench.call(7, i);
+            bench.call(8, i);
+        }
+        bench.call(1, BASE, 1024);
+        check.is("no mail", 0, bench.house.enclave(0, 6));
+        Code code = new Code().call(34, 0x9300, 0x9340).exit(0);
+        int next = bench.enclave(0x9000, 1024, 0, code);
+        bench.enter(next, 0, 0);
+        check.is("another measurement", false, Bench.hex(measurement).equals(Bench.hex(measured(bench, 1))));
+        byte[] due = report(Bench.root(SEED, 0), measured(bench, 1), new byte[32], new byte[32]);
+        same("the record is 0 again", due, bench.innerBytes(0x9340, 128));
     }
 
     private static void mailRefusals() {

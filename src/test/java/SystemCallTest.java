@@ -23,6 +23,8 @@ public final class SystemCallTest {
         regionsShown();
         entriesOfTheSystem();
         bySystemCode();
+        fourNumbersBySystemCode();
+        usedAgain();
         check.end();
     }
 
@@ -56,6 +58,10 @@ public final class SystemCallTest {
         for (int[] one : bad) {
             check.is("CREATE " + one[0] + " " + one[1], -1, bench.call(1, one[0], one[1]));
         }
+        Bench atZero = new Bench(1);
+        atZero.house.poke(0, 1, 2, 3, 4, 5);
+        check.is("at place 0", 0, atZero.call(1, 0, 256));
+        check.is("its bytes are 0", 0, atZero.house.inner(0) | atZero.house.inner(16));
         bench.house.poke(0x8000, 1, 2, 3, 4, 5);
         bench.house.poke(0xfff0, 1, 2, 3, 4, 5);
         check.is("the largest one", 0, bench.call(1, 0x8000, 32768));
@@ -121,7 +127,7 @@ public final class SystemCallTest {
         check.is("the page before it", 0, bench.house.inner(0x80fc));
         int[][] bad = {
             {2, 0, 0x1000}, {-1, 0, 0x1000}, {6, 0, 0x1000}, {0, 2, 0x1000}, {0, -1, 0x1000}, {0, 0x1000000, 0x1000},
-            {0, 0, 0x1002}, {0, 0, -4}, {0, 0, 131072 - 252}, {0, 0, 0x8000}, {0, 0, 0x7f04}, {0, 0, 0x90fc}
+            {0, 0, 0x1002}, {0, 0, 0x1001}, {0, 0, -4}, {0, 0, 131072 - 252}, {0, 0, 0x8000}, {0, 0, 0x7f04}, {0, 0, 0x90fc}
         };
         for (int[] one : bad) {
             check.is("LOAD " + one[0] + " " + one[1] + " " + one[2], -1, bench.call(2, one));
@@ -139,7 +145,7 @@ public final class SystemCallTest {
         Bench bench = new Bench(1);
         bench.call(1, 0x8000, 256);
         int[][] bad = {
-            {1, 0, 0}, {-1, 0, 0}, {0, 2, 0}, {0, 256, 0}, {0, -4, 0}, {0, 0, 8}, {0, 0, 272}, {0, 0, -16}
+            {1, 0, 0}, {-1, 0, 0}, {0, 2, 0}, {0, 256, 0}, {0, -4, 0}, {0, 1, 0}, {0, 0, 8}, {0, 0, 1}, {0, 0, 272}, {0, 0, -16}
         };
         for (int[] one : bad) {
             check.is("THREAD " + one[0] + " " + one[1] + " " + one[2], -1, bench.call(3, one));
@@ -372,7 +378,7 @@ public final class SystemCallTest {
 
     private static void disk() {
         Bench bench = new Bench(1);
-        int[][] bad = {{2, 0, 0}, {-1, 0, 0}, {0, 32, 0}, {0, -1, 0}, {0, 0, 2}, {0, 0, -4}, {0, 0, 131072 - 252}};
+        int[][] bad = {{2, 0, 0}, {-1, 0, 0}, {0, 32, 0}, {0, -1, 0}, {0, 0, 2}, {0, 0, 1}, {0, 0, -4}, {0, 0, 131072 - 252}};
         for (int[] one : bad) {
             check.is("DMA " + one[0] + " " + one[1] + " " + one[2], -1, bench.call(14, one));
         }
@@ -397,6 +403,7 @@ public final class SystemCallTest {
         check.is("LOOK at the last word", 0, bench.call(17, 0, 1020));
         check.is("no offset", -1, bench.call(17, 0, 1024));
         check.is("no offset", -1, bench.call(17, 0, 2));
+        check.is("no offset", -1, bench.call(17, 0, 1));
         check.is("no offset", -1, bench.call(17, 0, -4));
         check.is("no enclave", -1, bench.call(17, 3, 0));
         check.is("not DEBUG", -6, bench.call(17, 1, 0));
@@ -434,6 +441,38 @@ public final class SystemCallTest {
         check.is("no entry", -1, bench.house.entry(0, -1, 0));
         check.is("no hart", -1, bench.house.entry(2, 0, 0));
         check.is("no hart", -1, bench.house.entry(-1, 0, 0));
+    }
+
+    /** A LINK has four numbers, so all of them have to come from the right registers. */
+    private static void fourNumbersBySystemCode() {
+        Bench bench = ready(0);
+        bench.call(1, 0x9000, 256);
+        bench.stillHart1();
+        bench.system(0x100, new Code().set(12, 0xb000).set(13, 512).set(14, 3).call(10, 1, 0));
+        bench.house.run(13);
+        check.is("LINK", 2, bench.house.register(0, 10));
+        check.is("what it is", "3 45056 512 1 0", bench.house.region(2, 0) + " " + bench.house.region(2, 1) + " "
+            + bench.house.region(2, 2) + " " + bench.house.region(2, 3) + " " + bench.house.region(2, 4));
+    }
+
+    /** Numbers are used again: nothing of who had them before is left. */
+    private static void usedAgain() {
+        Bench bench = new Bench(1);
+        Code code = new Code().call(43, 0x8080, 0).call(36, 0x80f0, 4).call(38, 1, 0).exit(5);
+        int thread = bench.enclave(0x8000, 256, 0, code);
+        bench.call(9, 0, 0xa000, 256);
+        bench.enter(thread, 1, 2);
+        check.is("accepted", 1, bench.house.region(1, 5));
+        check.is("asked", 1, bench.house.enclave(0, 7));
+        bench.call(11, 1);
+        check.is("the same number", 1, bench.call(9, 0, 0xb000, 256));
+        check.is("not accepted", 0, bench.house.region(1, 5));
+        bench.call(7, 0);
+        bench.call(8, 0);
+        bench.call(1, 0x8000, 256);
+        check.is("not asked", 0, bench.house.enclave(0, 7));
+        check.is("the same thread", thread, bench.call(3, 0, 0, 0));
+        check.is("nothing inside", 0, bench.house.inside(thread, 32) | bench.house.inside(thread, 10));
     }
 
     private static void bySystemCode() {
