@@ -224,7 +224,7 @@ public final class EnclaveTest {
         bench.enter(thread, 0, 0);
         check.is("no multiple of 4", -1, bench.house.inside(thread, 20));
         check.is("an odd number", -1, bench.house.inside(thread, 21));
-        check.is("it went on", "0 9 0", told(bench.house, 0));
+        check.is("it went on at once", "1 30 0 0 0 9 0 0", bench.event(0));
     }
 
     /** ENTERED again a THREAD has no HANDLER, and nothing is HELD. */
@@ -250,6 +250,7 @@ public final class EnclaveTest {
         check.is("EXIT with a handler", "0 1 0", told(bench.house, 0));
         bench.enter(thread, 1, 0);
         check.is("there is no handler", "3 2 0", told(bench.house, 0));
+        check.is("it did not go there", 0x8040, bench.house.inside(thread, 32));
     }
 
     private static void returnsOnce() {
