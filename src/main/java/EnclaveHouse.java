@@ -379,7 +379,7 @@ public final class EnclaveHouse {
 
     /** Less, as without sign. */
     private static boolean isBelow(int left, int right) {
-        return (left ^ Integer.MIN_VALUE) < (right ^ Integer.MIN_VALUE);
+        return (left ^ 0x80000000) < (right ^ 0x80000000);
     }
 
     /**

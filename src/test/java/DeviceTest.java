@@ -205,7 +205,9 @@ public final class DeviceTest {
         code.set(10, 7).set(17, 47).word(Code.CALL).word(Code.branching(5, 10, 0, -20)).exit(0);
         int thread = bench.enclave(0x8000, 512, 0, code);
         check.is("where the loop is", 192, loop);
-        bench.enter(thread, 0, 0);
+        bench.call(5, thread, 0, 0);
+        bench.house.run(600);
+        check.is("it did EXIT", 1, bench.house.thread(thread, 0));
         int[] due = {-2, -2, -2, 0, -2, 256};
         for (int i = 0; i < due.length; i++) {
             check.is("path number " + i, due[i], bench.house.inside(thread, 20 + i));
