@@ -45,7 +45,8 @@ final class Agent {
     /** What it was made by, for a MEASUREMENT; the page is that which was loaded last from the stage. */
     byte[] measurement(int flags) {
         byte[] page = bench.innerBytes(STAGE, 256);
-        return Bench.sha(Bench.numbers(1, SIZE), Bench.numbers(2, 0), page, Bench.numbers(3, 0, SIZE), Bench.numbers(4, flags));
+        return Bench.sha(Bench.numbers(1, SIZE), Bench.numbers(2, 0), page, Bench.numbers(3, 0, SIZE),
+            Bench.numbers(4, flags));
     }
 
     private void waitsForWork() {

@@ -78,7 +78,8 @@ final class DigestEdges {
                 agent.ask(35, 5, DATA);
                 byte[] root = Bench.mac(Bench.sha(Bench.numbers(seed)), Bench.numbers(version));
                 byte[] due = Bench.mac(root, Bench.numbers(6), agent.measurement(0), Bench.numbers(5));
-                edges.is("a KEY of seed " + seed + ", version " + version, Bench.hex(due), Bench.hex(agent.bytes(0x200, 32)));
+                edges.is("a KEY of seed " + seed + ", version " + version, Bench.hex(due),
+                    Bench.hex(agent.bytes(0x200, 32)));
             }
         }
         Agent agent = new Agent(new Bench(3), BASE);
@@ -88,7 +89,8 @@ final class DigestEdges {
     }
 
     private void measurementOfNothing() {
-        edges.terms(7, 13, "MEASUREMENT of an enclave: SHA-256 of what it was made by, in order: CREATE: 1, the size; ");
+        edges.terms(7, 13, "MEASUREMENT of an enclave: SHA-256 of what it was made by, in order: CREATE: 1, the "
+            + "size; ");
         for (int size = 256; size <= 32768; size *= 2) {
             Bench bench = new Bench(1);
             bench.call(1, 32768, size);
@@ -98,7 +100,8 @@ final class DigestEdges {
     }
 
     private void measurementInOrder() {
-        edges.terms(7, 13, "LOAD: 2, the page, its 256 bytes; THREAD: 3, the entry, the stack; FINALISE: 4, the FLAGS.");
+        edges.terms(7, 13, "LOAD: 2, the page, its 256 bytes; THREAD: 3, the entry, the stack; FINALISE: 4, the "
+            + "FLAGS.");
         Bench bench = new Bench(1);
         bench.house.poke(0x400, 0x04030201, -1, MIN, 3, 4);
         bench.house.poke(0x5ec, 5, 6, 7, 8, MAX);
@@ -111,7 +114,8 @@ final class DigestEdges {
         bench.call(3, 0, 0, 0);
         bench.call(2, 0, 3, 0x500);
         bench.call(4, 0, 1);
-        byte[] due = Bench.sha(Bench.numbers(1, 1024, 3, 1020, 1024, 2, 3), first, Bench.numbers(2, 0), second, Bench.numbers(3, 0, 0, 2, 3), second,
+        byte[] due = Bench.sha(Bench.numbers(1, 1024, 3, 1020, 1024, 2, 3), first, Bench.numbers(2, 0), second,
+            Bench.numbers(3, 0, 0, 2, 3), second,
             Bench.numbers(4, 1));
         edges.is("in order, a page twice", Bench.hex(due), measured(bench, 0));
     }
@@ -158,7 +162,8 @@ final class DigestEdges {
         bench.call(8, 0);
         bench.call(1, BASE, 512);
         bench.call(4, 0, 0);
-        edges.is("nor what the number before was made by", Bench.hex(Bench.sha(Bench.numbers(1, 512, 4, 0))), measured(bench, 0));
+        edges.is("nor what the number before was made by", Bench.hex(Bench.sha(Bench.numbers(1, 512, 4, 0))),
+            measured(bench, 0));
     }
 
     private void notOfWhere() {
@@ -191,7 +196,8 @@ final class DigestEdges {
             agent.ask(34, BASE + 0x300, DATA);
             byte[] data = agent.bytes(0x300, 32);
             byte[] body = Bench.join(agent.measurement(1), Bench.sha(new byte[32], data), data);
-            edges.is("its 128 bytes", Bench.hex(Bench.join(body, Bench.mac(Bench.root(seed, seed + 1), Bench.numbers(5), body))),
+            edges.is("its 128 bytes", Bench.hex(Bench.join(body, Bench.mac(Bench.root(seed, seed + 1),
+                Bench.numbers(5), body))),
                 Bench.hex(agent.bytes(0x200, 128)));
         }
     }
@@ -204,16 +210,16 @@ final class DigestEdges {
         agent.ask(35, -7, DATA);
         same.ask(35, -7, 0x9200);
         byte[] due = Bench.mac(Bench.root(1, 0), Bench.numbers(6), agent.measurement(0), Bench.numbers(-7));
-        edges.is("two of one MEASUREMENT", Bench.hex(due) + " " + Bench.hex(due), Bench.hex(agent.bytes(0x200, 32)) + " "
-            + Bench.hex(same.bytes(0x200, 32)));
+        edges.are("two of one MEASUREMENT", Bench.hex(due) + " " + Bench.hex(due), Bench.hex(agent.bytes(0x200, 32)),
+            Bench.hex(same.bytes(0x200, 32)));
         agent.ask(49, BASE + 0x300);
         agent.ask(35, -7, DATA);
         edges.is("the RECORD does not count", Bench.hex(due), Bench.hex(agent.bytes(0x200, 32)));
     }
 
     private void random() {
-        edges.terms(7, 14, "RANDOM: the first so many bytes of HMAC by ROOT of 7, the MEASUREMENT, the GENERATION, and how often this enclave asked "
-            + "so before.");
+        edges.terms(7, 14, "RANDOM: the first so many bytes of HMAC by ROOT of 7, the MEASUREMENT, the GENERATION, "
+            + "and how often this enclave asked so before.");
         Bench bench = new Bench(1);
         for (int generation = 1; generation < 3; generation++) {
             Agent agent = new Agent(bench, BASE);
@@ -221,9 +227,11 @@ final class DigestEdges {
             for (int asked = 0; asked < 3; asked++) {
                 agent.ask(36, DATA, 0);
                 agent.ask(36, DATA, 32 - asked);
-                byte[] due = Bench.mac(Bench.root(1, 0), Bench.numbers(7), measurement, Bench.numbers(generation, asked));
+                byte[] due = Bench.mac(Bench.root(1, 0), Bench.numbers(7), measurement,
+                    Bench.numbers(generation, asked));
                 int n = 32 - asked;
-                edges.is("GENERATION " + generation + ", asked " + asked, Bench.hex(due).substring(0, 2 * n), Bench.hex(agent.bytes(0x200, n)));
+                edges.is("GENERATION " + generation + ", asked " + asked, Bench.hex(due).substring(0, 2 * n),
+                    Bench.hex(agent.bytes(0x200, n)));
                 edges.is("how often it asked", asked + 1, bench.house.enclave(0, 7));
             }
             bench.call(7, 0);
@@ -238,13 +246,14 @@ final class DigestEdges {
     }
 
     private void log() {
-        edges.terms(7, 13, "The LOG (32 bytes 0 at first) becomes, with each CALL 1 to 11, 19, 20 of the system that is not refused, SHA-256 of "
-            + "itself, x17, p, q, r, s (from outside, too).");
+        edges.terms(7, 13, "The LOG (32 bytes 0 at first) becomes, with each CALL 1 to 11, 19, 20 of the system that "
+            + "is not refused, SHA-256 of itself, x17, p, q, r, s (from outside, too).");
         Bench bench = new Bench(1);
         bench.call(3, 0, 0, 0);
         Agent agent = new Agent(bench, BASE);
         // What a CALL does not use counts as well; ask() RESUMES, so that CALL 6 is among these.
-        int[][] given = {{1, 0x9000, 256, -1, MIN}, {2, 1, 0, 0x400, 5}, {3, 1, 0, 0, MAX}, {9, 1, 0xa000, 256, 6}, {10, 0, 1, 0xb000, 256}, {11, 3, 7, 8, 9},
+        int[][] given = {{1, 0x9000, 256, -1, MIN}, {2, 1, 0, 0x400, 5}, {3, 1, 0, 0, MAX}, {9, 1, 0xa000, 256, 6},
+            {10, 0, 1, 0xb000, 256}, {11, 3, 7, 8, 9},
             {19, 100000, 1, 2, 3}, {19, 0, 0, 0, 0}, {20, 0, 0xc000, 256, 4}, {4, 1, 1, 2, 3}, {5, 1, 2, 3, 4}};
         for (int[] one : given) {
             int answer = bench.call(one[0], one[1], one[2], one[3], one[4]);
@@ -265,10 +274,12 @@ final class DigestEdges {
         Bench bench = new Bench(1);
         Agent agent = new Agent(bench, BASE);
         bench.house.type(5);
-        int[][] refused = {{1, BASE, 256}, {1, 0, 1}, {2, 0, 0, 0}, {3, 0, 0, 0}, {4, 0, 0}, {5, 0, 0}, {7, 5}, {8, 0}, {9, 0, BASE, 256}, {10, 0, 0, 0, 256},
+        int[][] refused = {{1, BASE, 256}, {1, 0, 1}, {2, 0, 0, 0}, {3, 0, 0, 0}, {4, 0, 0}, {5, 0, 0}, {7, 5}, {8, 0},
+            {9, 0, BASE, 256}, {10, 0, 0, 0, 256},
             {11, 0}, {19, -1}, {20, 0, BASE, 256}, {0}, {22}, {32}};
         for (int[] one : refused) {
-            edges.is("CALL " + one[0] + " is refused", true, bench.house.call(0, one[0], one[1 % one.length], one[2 % one.length], 0, 0) < 0);
+            edges.is("CALL " + one[0] + " is refused", true, bench.house.call(0, one[0], one[1 % one.length],
+                one[2 % one.length], 0, 0) < 0);
         }
         logIs("what is refused does not count", agent);
         int[][] others = {{12, 65}, {13, 0}, {14, 0, 0, 0x400}, {15}, {16, 0, 0}, {17, 0, 0}, {21}};
@@ -296,7 +307,7 @@ final class DigestEdges {
         }
         bench.house.setRegister(0, 17, 1);
         bench.house.run(1);
-        edges.is("CREATE by an instruction", "1 1", bench.house.register(0, 10) + " " + bench.house.enclave(1, 0));
+        edges.are("CREATE by an instruction", "1 1", bench.house.register(0, 10), bench.house.enclave(1, 0));
         bench.log = Bench.sha(bench.log, Bench.numbers(1, 0x9000, 512, -3, MIN));
         logIs("the LOG", agent);
         bench.house.boot(0);

@@ -11,7 +11,8 @@ import java.util.regex.Pattern;
 /** The document's Terms and Promises, sentence by sentence, and which of them a test was made from. */
 final class Doc {
     /** A heading of the Terms or of a promise; the Terms begin with sentences that have no number. */
-    private static final Pattern HEADING = Pattern.compile("(?m)^(?:## (Terms)|======== (?=(\\d))|## (Promise \\d+).*|## .*)");
+    private static final Pattern HEADING =
+        Pattern.compile("(?m)^(?:## (Terms)|======== (?=(\\d))|## (Promise \\d+).*|## .*)");
     /** Where one sentence, or part of it, ends and the next one begins; the two dots of '0 .. 5' end none. */
     private static final Pattern BETWEEN = Pattern.compile("(?<=[.;)])(?<!\\.\\.) (?=[A-Z0-9(])");
 
@@ -26,7 +27,8 @@ final class Doc {
         while (heading.find()) {
             keep(name, text.substring(from, heading.start()));
             from = heading.end();
-            name = heading.group(1) != null ? "Terms 0" : heading.group(2) != null ? "Terms " + heading.group(2) : heading.group(3);
+            name = heading.group(1) != null ? "Terms 0" : heading.group(2) != null ? "Terms " + heading.group(2)
+                : heading.group(3);
         }
         keep(name, text.substring(from));
     }

@@ -69,6 +69,15 @@ final class Edges {
         return (from > 0 ? ".. " : "") + (rest.length() > 2 * LONG ? rest.substring(0, 2 * LONG) + " .." : rest);
     }
 
+    /** Several answers, told one behind the other. */
+    void are(String what, String due, Object... got) {
+        StringBuilder text = new StringBuilder();
+        for (Object one : got) {
+            text.append(text.length() == 0 ? "" : " ").append(one);
+        }
+        is(what, due, text.toString());
+    }
+
     /** A CALL of the system that is refused so, and leaves all as it is with a twin that did not make it. */
     void refused(String what, Supplier<Bench> made, int due, int f, int... given) {
         Bench bench = made.get();

@@ -43,12 +43,12 @@ final class MachineEdges {
         edges.is("-1 is not less U than 0", 0, new Steps(lessU).set(5, -1).set(6, 0).run(1).x(7));
         EnclaveHouse house = new EnclaveHouse(1);
         house.poke(0, MIN, MAX, -1, 0, 1);
-        edges.is("words keep their sign", MIN + " " + MAX + " -1", house.word(0) + " " + house.word(4) + " " + house.word(8));
+        edges.are("words keep their sign", MIN + " " + MAX + " -1", house.word(0), house.word(4), house.word(8));
     }
 
     private void lowestByteFirst() {
-        edges.terms(0, 3, "In MEMORY, and wherever bytes are told of a number, its lowest byte comes first, "
-            + "if it is not said otherwise.");
+        edges.terms(0, 3, "In MEMORY, and wherever bytes are told of a number, its lowest byte comes first, if it is "
+            + "not said otherwise.");
         int[] due = {0x01, 0x02, 0x03, -124};
         for (int i = 0; i < 4; i++) {
             Steps steps = new Steps(Code.byNumber(3, 7, 0, 5, i)).at(0x400, 0x84030201).set(5, 0x400).run(1);
@@ -59,11 +59,12 @@ final class MachineEdges {
         edges.is("digest of its first byte", Bench.word(Bench.sha(new byte[] {1}), 0), house.digest(0x400, 1, 0));
         house.call(0, 14, 1, 0, 0x400, 0);
         house.run(5);
-        edges.is("on THE DISK", "1 132", house.disk(0, 0, -1) + " " + house.disk(0, 3, -1));
+        edges.are("on THE DISK", "1 132", house.disk(0, 0, -1), house.disk(0, 3, -1));
     }
 
     private void memory() {
-        edges.terms(1, 4, "1 THE MACHINE. MEMORY: bytes 0 .. 131,071, all 0 at first; a WORD is four of them from a multiple of 4 on.");
+        edges.terms(1, 4, "1 THE MACHINE. MEMORY: bytes 0 .. 131,071, all 0 at first; a WORD is four of them from a "
+            + "multiple of 4 on.");
         EnclaveHouse house = new EnclaveHouse(1);
         int zeros = Bench.word(Bench.sha(new byte[4096]), 3);
         for (int place = 0; place < 131072; place += 4096) {
@@ -71,9 +72,9 @@ final class MachineEdges {
         }
         house.poke(131052, 1, 2, 3, 4, -5);
         house.poke(0, 6, 7, 8, 9, 10);
-        edges.is("the first and the last word", "6 -5", house.word(0) + " " + house.word(131068));
+        edges.are("the first and the last word", "6 -5", house.word(0), house.word(131068));
         for (int place : new int[] {-1, -4, 1, 2, 3, 131069, 131070, 131071, 131072, 131076, MIN, MAX, MAX - 3}) {
-            edges.is("no word at " + place, "0 0", house.word(place) + " " + house.inner(place));
+            edges.are("no word at " + place, "0 0", house.word(place), house.inner(place));
         }
         int store = Code.storing(0, 5, 6, 0);
         edges.is("the last byte", 0x77000000, new Steps(store).set(5, 131071).set(6, 0x77).run(1).house.word(131068));
@@ -86,50 +87,52 @@ final class MachineEdges {
         EnclaveHouse house = new EnclaveHouse(1);
         for (int hart = 0; hart < 2; hart++) {
             house.setRegister(hart, 5, 50 + hart);
-            edges.is("hart " + hart, "0 0", house.place(hart, 64 + 4 * hart, hart) + " " + house.setControl(hart, 0x140, 7 + hart));
+            edges.are("hart " + hart, "0 0", house.place(hart, 64 + 4 * hart, hart),
+                house.setControl(hart, 0x140, 7 + hart));
         }
         for (int hart = 0; hart < 2; hart++) {
-            edges.is("what hart " + hart + " has", (50 + hart) + " " + (64 + 4 * hart) + " " + hart + " " + (7 + hart),
-                house.register(hart, 5) + " " + house.count(14 + hart) + " " + house.count(12 + hart) + " " + house.control(hart, 0x140));
+            edges.are("what hart " + hart + " has", (50 + hart) + " " + (64 + 4 * hart) + " " + hart + " "
+                + (7 + hart), house.register(hart, 5), house.count(14 + hart), house.count(12 + hart),
+                house.control(hart, 0x140));
         }
         for (int hart : NO_HARTS) {
-            edges.is("no hart " + hart, "0 0 -1 -1 0 -1 -1", house.setRegister(hart, 1, 1) + " " + house.register(hart, 1) + " "
-                + house.place(hart, 0, 0) + " " + house.setControl(hart, 0x140, 1) + " " + house.control(hart, 0x140) + " "
-                + house.call(hart, 15, 0, 0, 0, 0) + " " + house.entry(hart, 0, 0));
+            edges.are("no hart " + hart, "0 0 -1 -1 0 -1 -1", house.setRegister(hart, 1, 1), house.register(hart, 1),
+                house.place(hart, 0, 0), house.setControl(hart, 0x140, 1), house.control(hart, 0x140),
+                house.call(hart, 15, 0, 0, 0, 0), house.entry(hart, 0, 0));
         }
     }
 
     private void registers() {
-        edges.terms(1, 14, "Each has, of THE SYSTEM: registers x0 (always 0) to x31, the PC, a MODE (0 U, 1 S), "
-            + "and control registers (3).");
+        edges.terms(1, 14, "Each has, of THE SYSTEM: registers x0 (always 0) to x31, the PC, a MODE (0 U, 1 S), and "
+            + "control registers (3).");
         Steps steps = new Steps(Code.byNumber(19, 0, 0, 0, 5), Code.byNumber(19, 31, 0, 0, 9));
         steps.house.setRegister(0, 0, 3);
         edges.is("x0 by setRegister", 0, steps.x(0));
         steps.run(2);
-        edges.is("x0 by an instruction, and x31", "0 9", steps.x(0) + " " + steps.x(31));
+        edges.are("x0 by an instruction, and x31", "0 9", steps.x(0), steps.x(31));
         edges.is("x32 and x-1", 0, steps.house.register(0, 32) | steps.house.register(0, -1));
-        edges.is("MODE of both at first", "1 1", new EnclaveHouse(1).count(12) + " " + new EnclaveHouse(1).count(13));
+        edges.are("MODE of both at first", "1 1", new EnclaveHouse(1).count(12), new EnclaveHouse(1).count(13));
     }
 
     private void threadInstead() {
-        edges.terms(1, 14, "A THREAD of an enclave (5) may RUN on a hart instead; it has registers and a PC of its own "
-            + "(what the system has there stays meanwhile).");
+        edges.terms(1, 14, "A THREAD of an enclave (5) may RUN on a hart instead; it has registers and a PC of its "
+            + "own (what the system has there stays meanwhile).");
         Bench bench = new Bench(1);
         int thread = bench.enclave(0x8000, 256, 0, new Code().set(8, 5).word(Code.jumping(0, 0)));
         bench.house.setRegister(0, 8, 77);
         bench.house.place(0, 0x200, 0);
         bench.call(5, thread, 1, 2);
         bench.house.run(5);
-        edges.is("the THREAD's x8 and PC", "5 32776", bench.house.inside(thread, 8) + " " + bench.house.inside(thread, 32));
-        edges.is("the system's x8, PC, MODE", "77 512 0", bench.house.register(0, 8) + " " + bench.house.count(14) + " "
-            + bench.house.count(12));
+        edges.are("the THREAD's x8 and PC", "5 32776", bench.house.inside(thread, 8), bench.house.inside(thread, 32));
+        edges.are("the system's x8, PC, MODE", "77 512 0", bench.house.register(0, 8), bench.house.count(14),
+            bench.house.count(12));
         bench.house.setRegister(0, 8, 78);
         bench.house.place(0, 0x300, 1);
         bench.house.setControl(0, 0x140, 4);
-        edges.is("they can be set meanwhile", "78 768 1 4", bench.house.register(0, 8) + " " + bench.house.count(14) + " "
-            + bench.house.count(12) + " " + bench.house.control(0, 0x140));
-        edges.is("and the THREAD runs on", "5 32776 0", bench.house.inside(thread, 8) + " " + bench.house.inside(thread, 32)
-            + " " + bench.house.count(8));
+        edges.are("they can be set meanwhile", "78 768 1 4", bench.house.register(0, 8), bench.house.count(14),
+            bench.house.count(12), bench.house.control(0, 0x140));
+        edges.are("and the THREAD runs on", "5 32776 0", bench.house.inside(thread, 8), bench.house.inside(thread, 32),
+            bench.house.count(8));
     }
 
     /** Hart 0 and hart 1 store and load one word; the DMA comes behind both, and TIME behind that. */
@@ -145,7 +148,8 @@ final class MachineEdges {
                 house.setRegister(hart, 6, 9);
             }
             house.run(1);
-            edges.is("hart " + storing + " stores, the other one loads", storing == 0 ? 9 : 0, house.register(1 - storing, 7));
+            edges.is("hart " + storing + " stores, the other one loads", storing == 0 ? 9 : 0,
+                house.register(1 - storing, 7));
         }
         EnclaveHouse house = new EnclaveHouse(1);
         house.disk(0, 0, 9);
@@ -160,8 +164,8 @@ final class MachineEdges {
         edges.is("TIME", 5, house.count(0));
         house.run(2);
         for (int hart = 0; hart < 2; hart++) {
-            edges.is("in the DMA's round, in the next, and TIME in the one behind", "0 9 6", house.register(hart, 7) + " "
-                + house.register(hart, 8) + " " + house.register(hart, 9));
+            edges.are("in the DMA's round, in the next, and TIME in the one behind", "0 9 6", house.register(hart, 7),
+                house.register(hart, 8), house.register(hart, 9));
         }
     }
 
@@ -182,26 +186,26 @@ final class MachineEdges {
     }
 
     private void offByHart0() {
-        edges.terms(1, 14, "When the machine is OFF nothing of this comes any more "
-            + "(a round in which it goes OFF ends at once), ");
+        edges.terms(1, 14, "When the machine is OFF nothing of this comes any more (a round in which it goes OFF "
+            + "ends at once), ");
         EnclaveHouse house = goingOff(0);
         edges.is("rounds", 5, house.run(7));
-        edges.is("OFF, TIME", "1 4", house.count(1) + " " + house.count(0));
-        edges.is("hart 0's answer and PC", "0 276", house.register(0, 10) + " " + house.count(14));
+        edges.are("OFF, TIME", "1 4", house.count(1), house.count(0));
+        edges.are("hart 0's answer and PC", "0 276", house.register(0, 10), house.count(14));
         edges.is("hart 1 made no step", 0x140 + 16, house.count(15));
-        edges.is("the DMA waits", "1 0", house.count(7) + " " + house.word(0x400));
+        edges.are("the DMA waits", "1 0", house.count(7), house.word(0x400));
         edges.is("no round", 0, house.run(2000));
-        edges.is("TIME, PC of hart 1, DMA", "4 336 1", house.count(0) + " " + house.count(15) + " " + house.count(7));
+        edges.are("TIME, PC of hart 1, DMA", "4 336 1", house.count(0), house.count(15), house.count(7));
     }
 
     private void offByHart1() {
         edges.terms(1, 14, "(a round in which it goes OFF ends at once)");
         EnclaveHouse house = goingOff(1);
         edges.is("rounds", 5, house.run(7));
-        edges.is("OFF, TIME", "1 4", house.count(1) + " " + house.count(0));
+        edges.are("OFF, TIME", "1 4", house.count(1), house.count(0));
         edges.is("hart 0 made its step", 0x114, house.count(14));
         edges.is("hart 1's PC", 0x154, house.count(15));
-        edges.is("the DMA waits", "1 0", house.count(7) + " " + house.word(0x400));
+        edges.are("the DMA waits", "1 0", house.count(7), house.word(0x400));
     }
 
     private void callsWhenOff() {
@@ -214,19 +218,21 @@ final class MachineEdges {
             edges.is("call " + f, -1, bench.call(f, f == 5 ? thread : 0, 0, 0, 0));
         }
         long before = house.outside();
-        edges.is("poke, word, inner", "0 7 8", house.poke(0x500, 7, 8, 0, 0, 0) + " " + house.word(0x500) + " " + house.inner(0x504));
-        edges.is("secret", "0 3", house.secret(0, 255, 3) + " " + house.secret(0, 255, 0));
-        edges.is("registers", "0 4", house.setRegister(1, 3, 4) + " " + house.register(1, 3));
-        edges.is("place and control", "0 0 5", house.place(0, 8, 0) + " " + house.setControl(0, 0x140, 5) + " " + house.control(0, 0x140));
-        edges.is("rounds", "0 0 -1 -1", house.run(0) + " " + house.run(1) + " " + house.run(-1) + " " + house.run(2001));
-        edges.is("keys, panel, console", "0 -1 -1", house.type(1) + " " + house.panel(0) + " " + house.console(0));
-        edges.is("the LINE", "false true", house.line(true) + " " + house.line(false));
-        edges.is("enclave, thread, region, entry, event", "2 1 1 32768 0", house.enclave(0, 0) + " " + house.thread(0, 0) + " "
-            + house.region(0, 0) + " " + house.entry(0, 0, 0) + " " + house.event(0, 0));
-        edges.is("disk", "0 6", house.disk(0, 0, 6) + " " + house.disk(0, 0, -1));
-        edges.is("digest, genuine", Bench.word(Bench.sha(), 0) + " false", house.digest(0, 0, 0) + " " + house.genuine(0));
+        edges.are("poke, word, inner", "0 7 8", house.poke(0x500, 7, 8, 0, 0, 0), house.word(0x500),
+            house.inner(0x504));
+        edges.are("secret", "0 3", house.secret(0, 255, 3), house.secret(0, 255, 0));
+        edges.are("registers", "0 4", house.setRegister(1, 3, 4), house.register(1, 3));
+        edges.are("place and control", "0 0 5", house.place(0, 8, 0), house.setControl(0, 0x140, 5),
+            house.control(0, 0x140));
+        edges.are("rounds", "0 0 -1 -1", house.run(0), house.run(1), house.run(-1), house.run(2001));
+        edges.are("keys, panel, console", "0 -1 -1", house.type(1), house.panel(0), house.console(0));
+        edges.are("the LINE", "false true", house.line(true), house.line(false));
+        edges.are("enclave, thread, region, entry, event", "2 1 1 32768 0", house.enclave(0, 0), house.thread(0, 0),
+            house.region(0, 0), house.entry(0, 0, 0), house.event(0, 0));
+        edges.are("disk", "0 6", house.disk(0, 0, 6), house.disk(0, 0, -1));
+        edges.are("digest, genuine", Bench.word(Bench.sha(), 0) + " false", house.digest(0, 0, 0), house.genuine(0));
         edges.is("outside is another", false, before == house.outside());
-        edges.is("boot, and it is not OFF", "1 0 3", house.boot(0) + " " + house.count(1) + " " + house.run(3));
+        edges.are("boot, and it is not OFF", "1 0 3", house.boot(0), house.count(1), house.run(3));
     }
 
     private void waiting() {
@@ -234,23 +240,23 @@ final class MachineEdges {
             + "that is all; else it waits no more.");
         for (int bit : new int[] {1, 5, 9}) {
             Steps steps = new Steps(Code.WAIT, Code.NOTHING, Code.NOTHING).run(3);
-            edges.is("it waits behind its word", "1 260", steps.house.count(10) + " " + steps.pc());
+            edges.are("it waits behind its word", "1 260", steps.house.count(10), steps.pc());
             steps.control(0x104, 546 & ~(1 << bit));
             pend(steps.house, bit);
             steps.run(2);
-            edges.is(bit + " PENDING and others ENABLED", "1 260", steps.house.count(10) + " " + steps.pc());
+            edges.are(bit + " PENDING and others ENABLED", "1 260", steps.house.count(10), steps.pc());
             steps.control(0x104, 1 << bit).run(1);
-            edges.is(bit + " PENDING and ENABLED", "0 264", steps.house.count(10) + " " + steps.pc());
+            edges.are(bit + " PENDING and ENABLED", "0 264", steps.house.count(10), steps.pc());
             steps = new Steps(Code.WAIT, Code.NOTHING).control(0x104, 1 << bit).run(3);
-            edges.is(bit + " ENABLED alone", "1 260", steps.house.count(10) + " " + steps.pc());
+            edges.are(bit + " ENABLED alone", "1 260", steps.house.count(10), steps.pc());
         }
         Steps other = new Steps(Code.WAIT, Code.NOTHING).control(0x104, 546).run(2);
         other.house.setControl(1, 0x144, 2);
         other.house.setControl(1, 0x14d, 0);
         edges.is("the other hart's interrupts", 1, other.run(2).house.count(10));
         Steps timer = new Steps(Code.WAIT, Code.NOTHING).control(0x104, 32).control(0x14d, 4).run(4);
-        edges.is("TIME is 4 now, but it made no STEP since", "4 1", timer.house.count(0) + " " + timer.house.count(10));
-        edges.is("the next one", "0 264", timer.run(1).house.count(10) + " " + timer.pc());
+        edges.are("TIME is 4 now, but it made no STEP since", "4 1", timer.house.count(0), timer.house.count(10));
+        edges.are("the next one", "0 264", timer.run(1).house.count(10), timer.pc());
     }
 
     /** Makes an interrupt of hart 0 PENDING. */
@@ -265,10 +271,12 @@ final class MachineEdges {
     }
 
     private void dueIsAll() {
-        edges.terms(1, 14, "2. If an interrupt is DUE: with a THREAD: it is INTERRUPTED (5); else a TRAP (3); that is all.");
+        edges.terms(1, 14, "2. If an interrupt is DUE: with a THREAD: it is INTERRUPTED (5); else a TRAP (3); that "
+            + "is all.");
         Steps steps = new Steps(Code.byNumber(19, 7, 0, 7, 1)).at(Steps.TRAPPED, Code.byNumber(19, 8, 0, 8, 1));
         steps.control(0x100, 2).control(0x104, 2).control(0x144, 2).run(1);
-        edges.is("a TRAP and no word done", (1 << 31 | 1) + " 0, 0 0", steps.trap() + ", " + steps.x(7) + " " + steps.x(8));
+        edges.is("a TRAP and no word done", (1 << 31 | 1) + " 0, 0 0", steps.trap() + ", " + steps.x(7) + " "
+            + steps.x(8));
         edges.is("then the word at TVEC", 1, steps.run(1).x(8));
         Bench bench = new Bench(1);
         int thread = bench.enclave(0x8000, 256, 0, new Code().set(8, 4));
@@ -277,10 +285,10 @@ final class MachineEdges {
         bench.house.setControl(0, 0x100, 0);
         bench.call(5, thread, 0, 0);
         bench.house.run(1);
-        edges.is("INTERRUPTED and no word done", "3 32768 0", bench.house.thread(thread, 0) + " " + bench.house.inside(thread, 32)
-            + " " + bench.house.inside(thread, 8));
-        edges.is("the system made no step, and no TRAP came", "0 0 0", bench.house.count(14) + " " + bench.house.control(0, 0x141)
-            + " " + bench.house.control(0, 0x142));
+        edges.are("INTERRUPTED and no word done", "3 32768 0", bench.house.thread(thread, 0),
+            bench.house.inside(thread, 32), bench.house.inside(thread, 8));
+        edges.are("the system made no step, and no TRAP came", "0 0 0", bench.house.count(14),
+            bench.house.control(0, 0x141), bench.house.control(0, 0x142));
     }
 
     private static Bench counting(int slice) {
@@ -293,16 +301,16 @@ final class MachineEdges {
     }
 
     private void slices() {
-        edges.terms(1, 14, "With a THREAD, if none is: it is INTERRUPTED, and that is all, also if the SLICE that the hart had "
-            + "when it began to run is above 0, and it did 3. so many times since.");
+        edges.terms(1, 14, "With a THREAD, if none is: it is INTERRUPTED, and that is all, also if the SLICE that "
+            + "the hart had when it began to run is above 0, and it did 3. so many times since.");
         for (int slice : new int[] {1, 2, 5}) {
             Bench bench = counting(slice);
             bench.house.run(slice);
             edges.is("slice " + slice + ": so many steps", 2, bench.house.thread(0, 0));
             int x8 = bench.house.inside(0, 8);
             bench.house.run(1);
-            edges.is("slice " + slice + ": INTERRUPTED by it", "3 4 0 0", bench.house.thread(0, 0) + " " + bench.house.register(0, 10)
-                + " " + bench.house.register(0, 11) + " " + bench.house.register(0, 12));
+            edges.are("slice " + slice + ": INTERRUPTED by it", "3 4 0 0", bench.house.thread(0, 0),
+                bench.house.register(0, 10), bench.house.register(0, 11), bench.house.register(0, 12));
             edges.is("slice " + slice + ": no word was done", x8, bench.house.inside(0, 8));
             bench.call(6, 0, 0);
             bench.house.run(slice);
@@ -329,7 +337,7 @@ final class MachineEdges {
         bench.house.run(1);
         edges.is("on hart 1 its slice counts", 2, bench.house.thread(0, 0));
         bench.house.run(1);
-        edges.is("on hart 1 its slice ends", "3 4", bench.house.thread(0, 0) + " " + bench.house.register(1, 10));
+        edges.are("on hart 1 its slice ends", "3 4", bench.house.thread(0, 0), bench.house.register(1, 10));
     }
 
     private void sliceCountsAllSteps() {
@@ -341,13 +349,14 @@ final class MachineEdges {
         bench.call(19, 9);
         bench.call(5, thread, 0, 0);
         bench.house.run(9);
-        edges.is("nine steps", "2 32800", bench.house.thread(thread, 0) + " " + bench.house.inside(thread, 32));
+        edges.are("nine steps", "2 32800", bench.house.thread(thread, 0), bench.house.inside(thread, 32));
         bench.house.run(1);
         edges.is("the tenth", 3, bench.house.thread(thread, 0));
     }
 
     private void pcGoesOn() {
-        edges.terms(1, 14, "3. The word at the PC is fetched, and done (2); the PC goes on by 4, if nothing else is said.");
+        edges.terms(1, 14, "3. The word at the PC is fetched, and done (2); the PC goes on by 4, if nothing else is "
+            + "said.");
         Steps steps = new Steps(Code.NOTHING, Code.NOTHING).run(2);
         edges.is("two words", Steps.AT + 8, steps.pc());
         steps = new Steps().at(131052, 0, 0, 0, 0, Code.NOTHING).from(131068, 1).run(1);
@@ -361,11 +370,13 @@ final class MachineEdges {
     }
 
     private void exceptionDoesNothing() {
-        edges.terms(1, 14, "If that is an EXCEPTION, what it would have done is not done; "
-            + "with a THREAD that is HANDLED, or a FAULT (5), else a TRAP.");
+        edges.terms(1, 14, "If that is an EXCEPTION, what it would have done is not done; with a THREAD that is "
+            + "HANDLED, or a FAULT (5), else a TRAP.");
         int[] words = {
-            Code.byNumber(3, 7, 2, 5, 1), Code.byNumber(3, 7, 4, 5, -1), Code.inMemory(0, 7, 5, 6) | 1 << 7, Code.jumping(7, 2),
-            Code.byNumber(103, 7, 0, 5, 2), Code.inMemory(2, 7, 6, 0), Code.control(7, 1, 6, 0xc01), Code.control(7, 1, 6, 0x101)
+            Code.byNumber(3, 7, 2, 5, 1), Code.byNumber(3, 7, 4, 5, -1), Code.inMemory(0, 7, 5, 6) | 1 << 7,
+                Code.jumping(7, 2),
+            Code.byNumber(103, 7, 0, 5, 2), Code.inMemory(2, 7, 6, 0), Code.control(7, 1, 6, 0xc01),
+            Code.control(7, 1, 6, 0x101)
         };
         String[] due = {"4 1", "5 -1", "6 2", "0 258", "0 2", "4 2", "2 " + words[6], "2 " + words[7]};
         for (int i = 0; i < words.length; i++) {
@@ -377,28 +388,31 @@ final class MachineEdges {
         Bench bench = new Bench(1);
         int thread = bench.enclave(0x8000, 256, 0, new Code().word(Code.jumping(7, 2)));
         bench.enter(thread, 0, 0);
-        edges.is("a FAULT", "5 0 3 0", bench.house.thread(thread, 0) + " " + bench.house.inside(thread, 7) + " "
-            + bench.house.register(0, 10) + " " + bench.house.register(0, 11));
+        edges.are("a FAULT", "5 0 3 0", bench.house.thread(thread, 0), bench.house.inside(thread, 7),
+            bench.house.register(0, 10), bench.house.register(0, 11));
         bench = new Bench(1);
         thread = bench.enclave(0x8000, 256, 0, new Code().call(43, 0x8040, 0).word(Code.jumping(7, 2)));
         bench.call(5, thread, 0, 0);
         bench.house.run(8);
-        edges.is("HANDLED", "2 0 32832", bench.house.thread(thread, 0) + " " + bench.house.inside(thread, 7) + " "
-            + bench.house.inside(thread, 32));
+        edges.are("HANDLED", "2 0 32832", bench.house.thread(thread, 0), bench.house.inside(thread, 7),
+            bench.house.inside(thread, 32));
     }
 
     private void orderOfInterrupts() {
-        edges.terms(1, 14, "INTERRUPTS of a hart: 9 (from outside), 1 (a signal), 5 (its timer), the first in this order.");
+        edges.terms(1, 14, "INTERRUPTS of a hart: 9 (from outside), 1 (a signal), 5 (its timer), the first in this "
+            + "order.");
         int[][] given = {{546, 9}, {34, 1}, {32, 5}, {544, 9}, {514, 9}, {2, 1}, {512, 9}};
         for (int[] one : given) {
-            Steps steps = new Steps(Code.NOTHING).control(0x104, one[0]).control(0x144, 2).control(0x14d, 0).control(0x100, 2);
+            Steps steps = new Steps(Code.NOTHING).control(0x104, one[0]).control(0x144, 2).control(0x14d, 0)
+                .control(0x100, 2);
             steps.house.line(true);
             edges.is("of ENABLED " + one[0], (1 << 31 | one[1]) + " 0", steps.run(1).trap());
         }
     }
 
     private void dueByMode() {
-        edges.terms(1, 14, "DUE is one that is PENDING and ENABLED: with a THREAD and in U always, in S if IE of STATUS is 1.");
+        edges.terms(1, 14, "DUE is one that is PENDING and ENABLED: with a THREAD and in U always, in S if IE of "
+            + "STATUS is 1.");
         for (int mode = 0; mode < 2; mode++) {
             for (int status : new int[] {0, 2, ~2}) {
                 Steps steps = new Steps(Code.NOTHING).control(0x104, 32).control(0x14d, 0).control(0x100, status);
@@ -408,7 +422,8 @@ final class MachineEdges {
             }
             for (int[] one : new int[][] {{0, 2}, {2, 0}}) {
                 Steps steps = new Steps(Code.NOTHING).control(0x104, one[0]).control(0x144, one[1]).control(0x100, 2);
-                edges.is("MODE " + mode + ", ENABLED " + one[0] + ", PENDING " + one[1], "none", steps.from(Steps.AT, mode).run(1).trap());
+                edges.is("MODE " + mode + ", ENABLED " + one[0] + ", PENDING " + one[1], "none",
+                    steps.from(Steps.AT, mode).run(1).trap());
             }
         }
         for (int mode = 0; mode < 2; mode++) {

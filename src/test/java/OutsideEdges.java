@@ -46,8 +46,9 @@ final class OutsideEdges {
     }
 
     private void words() {
-        edges.terms(9, 27, "9 OUTSIDE is a number of what lies open to the system: x is 1; for each number v in this order (with its sign) x becomes "
-            + "x * 6364136223846793005 + v + 1 (64 bits): all WORDS of MEMORY by places, ");
+        edges.terms(9, 27, "9 OUTSIDE is a number of what lies open to the system: x is 1; for each number v in this "
+            + "order (with its sign) x becomes x * 6364136223846793005 + v + 1 (64 bits): all WORDS of MEMORY by "
+            + "places, ");
         EnclaveHouse house = new EnclaveHouse(5);
         house.poke(0, MIN, -1, MAX, 0, 1);
         house.poke(131052, 1, 2, 3, -4, MIN);
@@ -85,7 +86,8 @@ final class OutsideEdges {
     }
 
     private void harts() {
-        edges.terms(9, 27, "for each hart x1 to x31, PC, MODE, 1 if it WAITS else 0, the THREAD that runs there (or -1), ");
+        edges.terms(9, 27, "for each hart x1 to x31, PC, MODE, 1 if it WAITS else 0, the THREAD that runs there (or "
+            + "-1), ");
         for (int hart = 0; hart < 2; hart++) {
             Bench bench = new Bench(5);
             EnclaveHouse house = bench.house;
@@ -140,7 +142,8 @@ final class OutsideEdges {
     }
 
     private void controls() {
-        edges.terms(9, 27, "STATUS, ENABLED, TVEC, SCRATCH, EPC, CAUSE, TVAL, bit 1 of PENDING (1 or 0), COMPARE, ATP, SLICE; ");
+        edges.terms(9, 27, "STATUS, ENABLED, TVEC, SCRATCH, EPC, CAUSE, TVAL, bit 1 of PENDING (1 or 0), COMPARE, "
+            + "ATP, SLICE; ");
         for (int hart = 0; hart < 2; hart++) {
             EnclaveHouse house = new EnclaveHouse(5);
             Outside due = new Outside();
@@ -295,7 +298,8 @@ final class OutsideEdges {
         for (int claims = 0; claims < 2; claims++) {
             Bench bench = new Bench(5);
             bench.call(1, 0x7000, 256);
-            int thread = bench.enclave(0x8000, 256, 0, new Code().set(17, claims == 1 ? 45 : 99).word(Code.CALL).word(Code.jumping(0, 0)));
+            int thread = bench.enclave(0x8000, 256, 0, new Code().set(17, claims == 1 ? 45 : 99).word(Code.CALL)
+                .word(Code.jumping(0, 0)));
             bench.house.call(1, 5, thread, 0, 0, 0);
             bench.house.run(3);
             Outside due = new Outside();

@@ -31,41 +31,44 @@ final class PathEdges {
                 agent.ask(45);
             }
             for (int key : new int[] {-1, 256, MIN, MAX}) {
-                edges.is("no key " + key, "-1 0 0", bench.house.type(key) + " " + bench.house.count(19) + " " + bench.house.count(21));
+                edges.are("no key " + key, "-1 0 0", bench.house.type(key), bench.house.count(19),
+                    bench.house.count(21));
             }
             for (int key : new int[] {0, 255}) {
                 edges.is("key " + key, path, bench.house.type(key));
             }
-            edges.is("what waits", path == 1 ? "0 2" : "2 0", bench.house.count(19) + " " + bench.house.count(21));
+            edges.are("what waits", path == 1 ? "0 2" : "2 0", bench.house.count(19), bench.house.count(21));
         }
     }
 
     private void sixteen() {
-        edges.terms(8, 15, "While an enclave has it, keys that are typed wait on it (16 at most, others are lost), else for the system (16 likewise).");
+        edges.terms(8, 15, "While an enclave has it, keys that are typed wait on it (16 at most, others are lost), "
+            + "else for the system (16 likewise).");
         Bench bench = new Bench(1);
         Agent agent = new Agent(bench, BASE);
         for (int i = 0; i < 16; i++) {
             edges.is("for the system", 0, bench.house.type(i));
         }
-        edges.is("lost", "-1 16 0", bench.house.type(99) + " " + bench.house.count(19) + " " + bench.house.count(21));
+        edges.are("lost", "-1 16 0", bench.house.type(99), bench.house.count(19), bench.house.count(21));
         agent.ask(45);
         for (int i = 0; i < 16; i++) {
             edges.is("on the PATH", 1, bench.house.type(100 + i));
         }
-        edges.is("lost", "-1 16 16", bench.house.type(99) + " " + bench.house.count(19) + " " + bench.house.count(21));
-        edges.is("one taken, room for one", "100 1 -1", agent.ask(48) + " " + bench.house.type(200) + " " + bench.house.type(201));
+        edges.are("lost", "-1 16 16", bench.house.type(99), bench.house.count(19), bench.house.count(21));
+        edges.are("one taken, room for one", "100 1 -1", agent.ask(48), bench.house.type(200), bench.house.type(201));
         for (int i = 1; i < 16; i++) {
             edges.is("TYPED", 100 + i, agent.ask(48));
         }
-        edges.is("the last ones", "200 256", agent.ask(48) + " " + agent.ask(48));
+        edges.are("the last ones", "200 256", agent.ask(48), agent.ask(48));
         edges.is("of the system's one taken", 0, bench.call(21));
-        edges.is("while an enclave has it, none comes for the system", "1 15", bench.house.type(7) + " " + bench.house.count(19));
+        edges.are("while an enclave has it, none comes for the system", "1 15", bench.house.type(7),
+            bench.house.count(19));
         agent.ask(46);
-        edges.is("then one does", "0 -1", bench.house.type(8) + " " + bench.house.type(9));
+        edges.are("then one does", "0 -1", bench.house.type(8), bench.house.type(9));
         for (int i = 1; i < 16; i++) {
             edges.is("KEYS", i, bench.call(21));
         }
-        edges.is("the last ones", "8 256", bench.call(21) + " " + bench.call(21));
+        edges.are("the last ones", "8 256", bench.call(21), bench.call(21));
     }
 
     private void emptied() {
@@ -93,17 +96,19 @@ final class PathEdges {
 
     /** Keys on the PATH, bytes on the PANEL, the first one, and keys for the system. */
     private static String state(Bench bench) {
-        return bench.house.count(21) + " " + bench.house.count(22) + " " + bench.house.panel(0) + " " + bench.house.count(19);
+        return bench.house.count(21) + " " + bench.house.count(22) + " " + bench.house.panel(0) + " "
+            + bench.house.count(19);
     }
 
     private void disk() {
         edges.terms(8, 24, "DMA: THE DISK has 32 sectors of 256 bytes (0 at first).");
         EnclaveHouse house = new EnclaveHouse(1);
         for (int sector = 0; sector < 32; sector++) {
-            edges.is("sector " + sector, "0 0 0", house.disk(sector, 0, -1) + " " + house.disk(sector, 77, -1) + " " + house.disk(sector, 255, -1));
+            edges.are("sector " + sector, "0 0 0", house.disk(sector, 0, -1), house.disk(sector, 77, -1),
+                house.disk(sector, 255, -1));
         }
         for (int sector : new int[] {-1, 32, MIN, MAX}) {
-            edges.is("no sector " + sector, "-1 -1", house.disk(sector, 0, -1) + " " + house.call(0, 14, 0, sector, 0, 0));
+            edges.are("no sector " + sector, "-1 -1", house.disk(sector, 0, -1), house.call(0, 14, 0, sector, 0, 0));
         }
         for (int k : new int[] {-1, 256, MIN, MAX}) {
             edges.is("no byte " + k, -1, house.disk(0, k, -1));
@@ -121,18 +126,18 @@ final class PathEdges {
         house.call(1, 14, 1, 2, 0x800, 0);
         String[] due = {"1 0 0 0 3", "1 1 0 0 2", "1 1 1 0 1", "1 1 1 1 0"};
         house.run(4);
-        edges.is("behind 4 rounds", "0 0 0 0 4", house.word(0x400) + " " + house.disk(1, 0, -1) + " " + house.word(0x800) + " " + house.disk(2, 0, -1) + " "
-            + house.count(7));
+        edges.are("behind 4 rounds", "0 0 0 0 4", house.word(0x400), house.disk(1, 0, -1), house.word(0x800),
+            house.disk(2, 0, -1), house.count(7));
         for (int i = 0; i < 4; i++) {
             house.run(1);
-            edges.is("behind " + (5 + i) + " rounds", due[i], house.word(0x400) + " " + house.disk(1, 0, -1) + " " + house.word(0x800) + " "
-                + house.disk(2, 0, -1) + " " + house.count(7));
+            edges.are("behind " + (5 + i) + " rounds", due[i], house.word(0x400), house.disk(1, 0, -1),
+                house.word(0x800), house.disk(2, 0, -1), house.count(7));
         }
     }
 
     private void waiting() {
-        edges.terms(8, 14, "At the end of each ROUND each has waited for one more (0 when it came); then the first one, if it has waited for 5 or more, is "
-            + "done (one in a ROUND): ");
+        edges.terms(8, 14, "At the end of each ROUND each has waited for one more (0 when it came); then the first "
+            + "one, if it has waited for 5 or more, is done (one in a ROUND): ");
         EnclaveHouse house = new EnclaveHouse(1);
         house.call(0, 14, 0, 0, 0x400, 0);
         house.run(3);
@@ -142,25 +147,26 @@ final class PathEdges {
         String[] due = {"2 1", "2 1", "2 1", "1 2", "0 3", "0 3"};
         for (int i = 0; i < due.length; i++) {
             house.run(1);
-            edges.is("wait and done behind " + (5 + i) + " rounds", due[i], house.count(7) + " " + house.count(17));
+            edges.are("wait and done behind " + (5 + i) + " rounds", due[i], house.count(7), house.count(17));
         }
         house.call(0, 14, 0, 0, 0x400, 0);
         house.run(4);
-        edges.is("one more, behind 4 rounds", "1 3", house.count(7) + " " + house.count(17));
+        edges.are("one more, behind 4 rounds", "1 3", house.count(7), house.count(17));
         house.run(1);
-        edges.is("one more, behind 5 rounds", "0 4", house.count(7) + " " + house.count(17));
+        edges.are("one more, behind 5 rounds", "0 4", house.count(7), house.count(17));
         // A DMA that the system asks for in a ROUND has waited for one at its end.
-        Steps steps = new Steps(Code.CALL, Code.NOTHING, Code.NOTHING, Code.NOTHING, Code.NOTHING, Code.NOTHING).set(17, 14).set(10, 0).set(11, 0).set(12, 0x400);
+        Steps steps = new Steps(Code.CALL, Code.NOTHING, Code.NOTHING, Code.NOTHING, Code.NOTHING, Code.NOTHING)
+            .set(17, 14).set(10, 0).set(11, 0).set(12, 0x400);
         steps.run(4);
-        edges.is("asked for in a ROUND, behind 4 rounds", "1 0", steps.house.count(7) + " " + steps.house.count(17));
+        edges.are("asked for in a ROUND, behind 4 rounds", "1 0", steps.house.count(7), steps.house.count(17));
         steps.run(1);
-        edges.is("asked for in a ROUND, behind 5 rounds", "0 1", steps.house.count(7) + " " + steps.house.count(17));
+        edges.are("asked for in a ROUND, behind 5 rounds", "0 1", steps.house.count(7), steps.house.count(17));
         house = new EnclaveHouse(1);
         for (int i = 0; i < 4; i++) {
             house.call(0, 14, 0, i, 0x400, 0);
         }
         house.run(8);
-        edges.is("four at once, one in a ROUND", "0 4", house.count(7) + " " + house.count(17));
+        edges.are("four at once, one in a ROUND", "0 4", house.count(7), house.count(17));
     }
 
     private void bytes() {
@@ -174,11 +180,12 @@ final class PathEdges {
         house.call(0, 14, 0, 31, 0x400, 0);
         house.call(0, 14, 1, 0, 0x404, 0);
         house.run(6);
-        edges.is("those beside it", "17 119", house.word(0x3fc) + " " + house.word(0x500));
-        edges.is("the first and the last word", 0xfcfdfeff + " " + 0x00010000, house.word(0x400) + " " + house.word(0x4fc));
-        edges.is("back, from four bytes on", "251 0 1 0 119 0 0 0", house.disk(0, 0, -1) + " " + house.disk(0, 1, -1) + " " + house.disk(0, 250, -1) + " "
-            + house.disk(0, 251, -1) + " " + house.disk(0, 252, -1) + " " + house.disk(0, 253, -1) + " " + house.disk(0, 254, -1) + " " + house.disk(0, 255, -1));
-        edges.is("the sector stays, and the next one", "255 0", house.disk(31, 0, -1) + " " + house.disk(1, 0, -1));
+        edges.are("those beside it", "17 119", house.word(0x3fc), house.word(0x500));
+        edges.are("the first and the last word", 0xfcfdfeff + " " + 0x00010000, house.word(0x400), house.word(0x4fc));
+        edges.are("back, from four bytes on", "251 0 1 0 119 0 0 0", house.disk(0, 0, -1), house.disk(0, 1, -1),
+            house.disk(0, 250, -1), house.disk(0, 251, -1), house.disk(0, 252, -1), house.disk(0, 253, -1),
+            house.disk(0, 254, -1), house.disk(0, 255, -1));
+        edges.are("the sector stays, and the next one", "255 0", house.disk(31, 0, -1), house.disk(1, 0, -1));
     }
 
     private void failing() {
@@ -197,8 +204,9 @@ final class PathEdges {
                 house.secret(0, 0, 9);
                 house.secret(0, 255, 9);
                 house.run(5);
-                edges.is("at " + one[0] + ", " + back, "0 1 " + one[1], house.count(7) + " " + house.count(17) + " " + house.count(18));
-                edges.is("the enclave's bytes", 9 + " " + (9 << 24), house.inner(BASE) + " " + house.inner(BASE + 252));
+                edges.are("at " + one[0] + ", " + back, "0 1 " + one[1], house.count(7), house.count(17),
+                    house.count(18));
+                edges.are("the enclave's bytes", 9 + " " + (9 << 24), house.inner(BASE), house.inner(BASE + 252));
                 boolean moved = one[1] == 0;
                 edges.is("the sector", back == 1 && moved ? 0 : 7, house.disk(5, 0, -1));
                 int first = one[0] < BASE ? one[0] : one[0] + 252;
@@ -213,6 +221,6 @@ final class PathEdges {
         bench.house.run(4);
         bench.call(8, 0);
         bench.house.run(2);
-        edges.is("SHARED, and what is OPEN by then", "2 0", bench.house.count(17) + " " + bench.house.count(18));
+        edges.are("SHARED, and what is OPEN by then", "2 0", bench.house.count(17), bench.house.count(18));
     }
 }

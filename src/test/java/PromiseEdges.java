@@ -75,15 +75,17 @@ final class PromiseEdges {
         edges.is("COUNTERS", 0, house.count(16));
         Bench bench = new Bench(7);
         new Agent(bench, BASE).ask(42);
-        edges.is("another object has its own", "1 1", bench.house.count(16) + " " + new Agent(new Bench(7), BASE).ask(42));
+        edges.are("another object has its own", "1 1", bench.house.count(16), new Agent(new Bench(7), BASE).ask(42));
     }
 
     private void boot() {
-        edges.promise(2, "All is as at first, with a version, but for THE DISK and COUNTERS: how many enclaves there were.");
-        Bench bench = ThreadEdges.sixEnclaves();
+        edges.promise(2, "All is as at first, with a version, but for THE DISK and COUNTERS: how many enclaves there "
+            + "were.");
+        Bench bench = ThreadEdges.twelveThreads();
         EnclaveHouse house = bench.house;
         house.disk(3, 4, 99);
         edges.is("six enclaves", 6, house.boot(0));
+        edges.is("no THREADS, no REGIONS", 0, house.count(3) + house.count(4));
         edges.is("then none", 0, house.boot(0));
         edges.is("THE DISK stays", 99, house.disk(3, 4, 0));
         bench.call(1, BASE, 256);
@@ -98,7 +100,7 @@ final class PromiseEdges {
         agent.ask(42);
         agent.ask(42);
         house.boot(0);
-        edges.is("COUNTERS stay", "1 3", house.count(16) + " " + new Agent(bench, BASE).ask(42));
+        edges.are("COUNTERS stay", "1 3", house.count(16), new Agent(bench, BASE).ask(42));
     }
 
     private void bootVersions() {
@@ -152,21 +154,22 @@ final class PromiseEdges {
         bench.call(6, agent.thread, 0);
         house.line(true);
         house.call(1, 18, 0, 0, 0, 0);
-        edges.is("before: OFF, a THREAD on hart 0, DMAs, the PATH", "1 0 1 1 1 0", house.count(1) + " " + house.count(8) + " " + house.count(7) + " "
-            + house.count(17) + " " + house.count(18) + " " + house.count(20));
-        edges.is("before: hart 1 WAITS, keys", "1 1 1", house.count(11) + " " + house.count(19) + " " + house.count(21));
+        edges.are("before: OFF, a THREAD on hart 0, DMAs, the PATH", "1 0 1 1 1 0", house.count(1), house.count(8),
+            house.count(7), house.count(17), house.count(18), house.count(20));
+        edges.are("before: hart 1 WAITS, keys", "1 1 1", house.count(11), house.count(19), house.count(21));
         edges.is("one enclave", 1, house.boot(0));
-        edges.is("no EVENTS", "0 0", house.count(5) + " " + house.event(0, 0));
-        edges.is("neither WAITS", "0 0", house.count(10) + " " + house.count(11));
-        edges.is("TIME, MODES, PCs", "0 1 1 0 0", house.count(0) + " " + house.count(12) + " " + house.count(13) + " " + house.count(14) + " " + house.count(15));
+        edges.are("no EVENTS", "0 0", house.count(5), house.event(0, 0));
+        edges.are("neither WAITS", "0 0", house.count(10), house.count(11));
+        edges.are("TIME, MODES, PCs", "0 1 1 0 0", house.count(0), house.count(12), house.count(13), house.count(14),
+            house.count(15));
         edges.is("the LINE", false, house.line(false));
         edges.is("all that shows", Views.all(new EnclaveHouse(1)), Views.all(house));
-        edges.is("panel and console", "-1 -1", house.panel(0) + " " + house.console(0));
+        edges.are("panel and console", "-1 -1", house.panel(0), house.console(0));
         edges.is("KEYS", 256, bench.call(21));
         Agent again = new Agent(bench, BASE);
         again.ask(34, BASE + 0x300, BASE + 0x200);
         edges.is("the RECORD", Bench.hex(new byte[32]), Bench.hex(again.bytes(0x220, 32)));
-        edges.is("GENERATION and asked", "1 0", house.enclave(0, 5) + " " + house.enclave(0, 7));
+        edges.are("GENERATION and asked", "1 0", house.enclave(0, 5), house.enclave(0, 7));
         Steps steps = new Steps(Code.inMemory(2, 7, 5, 0)).set(5, 0x400).run(1);
         steps.house.boot(0);
         steps.at(Steps.AT, Code.inMemory(3, 8, 5, 6)).from(Steps.AT, 1).set(5, 0x400).run(1);
@@ -174,12 +177,13 @@ final class PromiseEdges {
     }
 
     private void poke() {
-        edges.promise(3, "Five words come to MEMORY, from a place on, as the system would store them (RESERVATIONS are lost): 0.");
+        edges.promise(3, "Five words come to MEMORY, from a place on, as the system would store them (RESERVATIONS "
+            + "are lost): 0.");
         for (int place : new int[] {0, 4, 0x7ff8, 131052}) {
             EnclaveHouse house = new EnclaveHouse(1);
             edges.is("poke at " + place, 0, house.poke(place, MIN, -1, 0, 7, MAX));
             edges.is("its words", MIN + " -1 0 7 " + MAX, words(house, place));
-            edges.is("those beside it", "0 0", house.word(place - 4) + " " + house.word(place + 20));
+            edges.are("those beside it", "0 0", house.word(place - 4), house.word(place + 20));
         }
         for (int i = -1; i < 6; i++) {
             Steps steps = new Steps(Code.inMemory(2, 7, 5, 0), Code.inMemory(3, 8, 5, 6)).set(5, 0x400).run(1);
@@ -212,8 +216,9 @@ final class PromiseEdges {
             edges.is("poke at " + place, -1, bench.house.poke(place, 1, 2, 3, 4, 5));
         }
         edges.is("none came", before, bench.house.outside());
-        edges.is("nor inside", "0 0", bench.house.inner(BASE) + " " + bench.house.inner(BASE + 252));
-        edges.is("right ahead of it, and behind", "0 0", bench.house.poke(BASE - 20, 1, 2, 3, 4, 5) + " " + bench.house.poke(BASE + 256, 1, 2, 3, 4, 5));
+        edges.are("nor inside", "0 0", bench.house.inner(BASE), bench.house.inner(BASE + 252));
+        edges.are("right ahead of it, and behind", "0 0", bench.house.poke(BASE - 20, 1, 2, 3, 4, 5),
+            bench.house.poke(BASE + 256, 1, 2, 3, 4, 5));
     }
 
     private void word() {
@@ -221,12 +226,14 @@ final class PromiseEdges {
         Bench bench = new Bench(1);
         bench.house.poke(0, -1, MIN, MAX, 1, 2);
         bench.house.poke(131052, 3, 4, 5, 6, 7);
-        edges.is("words", "-1 " + MIN + " " + MAX + " 7", bench.house.word(0) + " " + bench.house.word(4) + " " + bench.house.word(8) + " " + bench.house.word(131068));
+        edges.are("words", "-1 " + MIN + " " + MAX + " 7", bench.house.word(0), bench.house.word(4),
+            bench.house.word(8), bench.house.word(131068));
         bench.call(1, BASE, 256);
         bench.house.secret(0, 0, 5);
         bench.house.secret(0, 255, 5);
         bench.house.poke(BASE + 256, 8, 0, 0, 0, 0);
-        edges.is("not OPEN", "0 0 8", bench.house.word(BASE) + " " + bench.house.word(BASE + 252) + " " + bench.house.word(BASE + 256));
+        edges.are("not OPEN", "0 0 8", bench.house.word(BASE), bench.house.word(BASE + 252),
+            bench.house.word(BASE + 256));
         for (int place : new int[] {1, 2, 3, 131069, 131072, 131076, -1, -4, MIN, MIN + 4, MAX, MAX - 3}) {
             edges.is("none at " + place, 0, bench.house.word(place));
         }
@@ -239,7 +246,8 @@ final class PromiseEdges {
         bench.call(1, BASE, 256);
         bench.house.secret(0, 3, 128);
         bench.house.secret(0, 252, 5);
-        edges.is("of an enclave, and OPEN", MIN + " 5 7", bench.house.inner(BASE) + " " + bench.house.inner(BASE + 252) + " " + bench.house.inner(131068));
+        edges.are("of an enclave, and OPEN", MIN + " 5 7", bench.house.inner(BASE), bench.house.inner(BASE + 252),
+            bench.house.inner(131068));
     }
 
     private void innerOfNone() {
@@ -257,7 +265,8 @@ final class PromiseEdges {
         Bench bench = new Bench(1);
         bench.call(1, BASE, 256);
         bench.call(1, 0x9000, 512);
-        for (int[] one : new int[][] {{0, 0, BASE}, {0, 255, BASE + 255}, {1, 0, 0x9000}, {1, 511, 0x91ff}, {1, 258, 0x9102}}) {
+        for (int[] one : new int[][] {{0, 0, BASE}, {0, 255, BASE + 255}, {1, 0, 0x9000}, {1, 511, 0x91ff},
+            {1, 258, 0x9102}}) {
             edges.is("it was 0", 0, bench.house.secret(one[0], one[1], 255));
             edges.is("it was 255", 255, bench.house.secret(one[0], one[1], 0));
             edges.is("it was 0 again", 0, bench.house.secret(one[0], one[1], 0x81));
@@ -266,13 +275,15 @@ final class PromiseEdges {
         byte[] due = Bench.sha(Bench.numbers(1, 256, 4, 0));
         bench.call(4, 0, 0);
         edges.is("the MEASUREMENT is as it was", Bench.word(due, 0), bench.call(16, 0, 0));
-        edges.is("READY and STOPPED ones, too", "129 0 5", bench.house.secret(0, 0, 5) + " " + bench.call(7, 0) + " " + bench.house.secret(0, 0, 6));
+        edges.are("READY and STOPPED ones, too", "129 0 5", bench.house.secret(0, 0, 5), bench.call(7, 0),
+            bench.house.secret(0, 0, 6));
     }
 
     private void secretKeepsReservations() {
         edges.promise(6, "(no RESERVATION is lost): what it was.");
         Bench bench = new Bench(1);
-        Code code = new Code().set(5, BASE + 0x80).word(Code.inMemory(2, 7, 5, 0)).word(Code.inMemory(3, 8, 5, 5)).exit(0);
+        Code code = new Code().set(5, BASE + 0x80).word(Code.inMemory(2, 7, 5, 0)).word(Code.inMemory(3, 8, 5, 5))
+            .exit(0);
         int thread = bench.enclave(BASE, 256, 0, code);
         bench.call(5, thread, 0, 0);
         bench.house.run(3);
@@ -280,7 +291,7 @@ final class PromiseEdges {
             bench.house.secret(0, 0x80 + i, 9);
         }
         bench.house.run(1);
-        edges.is("stored", "0 " + (BASE + 0x80), bench.house.inside(thread, 8) + " " + bench.house.inner(BASE + 0x80));
+        edges.are("stored", "0 " + (BASE + 0x80), bench.house.inside(thread, 8), bench.house.inner(BASE + 0x80));
     }
 
     private void secretRefused() {
@@ -300,7 +311,7 @@ final class PromiseEdges {
             edges.is("byte " + value, -1, bench.house.secret(0, 5, value));
         }
         edges.is("it stayed", 77, bench.house.secret(0, 5, 0));
-        edges.is("beside it", "0 0", bench.house.inner(BASE - 4) + " " + bench.house.inner(BASE + 256));
+        edges.are("beside it", "0 0", bench.house.inner(BASE - 4), bench.house.inner(BASE + 256));
     }
 
     private void setRegister() {
@@ -326,7 +337,7 @@ final class PromiseEdges {
         }
         long before = house.outside();
         for (int n : new int[] {-1, 32, 33, MIN, MAX}) {
-            edges.is("x" + n, "0 0", house.setRegister(0, n, 5) + " " + house.setRegister(1, n, 5));
+            edges.are("x" + n, "0 0", house.setRegister(0, n, 5), house.setRegister(1, n, 5));
         }
         for (int hart : NO_HARTS) {
             edges.is("hart " + hart, 0, house.setRegister(hart, 1, 5));
@@ -354,14 +365,15 @@ final class PromiseEdges {
     private void inside() {
         edges.promise(9, "Register n of a THREAD, n = 32 its PC (all 0 before it is ENTERED first);");
         Bench bench = new Bench(1);
-        int thread = bench.enclave(BASE, 256, 0, new Code().set(31, -31).set(1, MIN).word(Code.byNumber(19, 0, 0, 0, 5)).word(Code.jumping(0, 0)));
+        int thread = bench.enclave(BASE, 256, 0, new Code().set(31, -31).set(1, MIN)
+            .word(Code.byNumber(19, 0, 0, 0, 5)).word(Code.jumping(0, 0)));
         for (int n = 0; n < 33; n++) {
             edges.is("before it is ENTERED, " + n, 0, bench.house.inside(thread, n));
         }
         bench.call(5, thread, 10, 11);
         bench.house.run(5);
-        edges.is("x0, x1, x31, PC", "0 " + MIN + " -31 " + (BASE + 20), bench.house.inside(thread, 0) + " " + bench.house.inside(thread, 1) + " "
-            + bench.house.inside(thread, 31) + " " + bench.house.inside(thread, 32));
+        edges.are("x0, x1, x31, PC", "0 " + MIN + " -31 " + (BASE + 20), bench.house.inside(thread, 0),
+            bench.house.inside(thread, 1), bench.house.inside(thread, 31), bench.house.inside(thread, 32));
         bench = new Bench(1);
         thread = bench.enclave(BASE, 256, 0, new Code().set(31, -31).exit(5));
         bench.enter(thread, 0, 0);
@@ -370,7 +382,8 @@ final class PromiseEdges {
         bench.call(8, 0);
         bench.call(1, BASE, 256);
         bench.call(3, 0, 4, 16);
-        edges.is("a new THREAD of that number", "0 0 0", bench.house.inside(thread, 31) + " " + bench.house.inside(thread, 32) + " " + bench.house.inside(thread, 2));
+        edges.are("a new THREAD of that number", "0 0 0", bench.house.inside(thread, 31),
+            bench.house.inside(thread, 32), bench.house.inside(thread, 2));
     }
 
     private void noInside() {
@@ -382,14 +395,14 @@ final class PromiseEdges {
             edges.is("register " + n, 0, bench.house.inside(thread, n));
         }
         for (int none : new int[] {-1, 1, 11, 12, MIN, MAX}) {
-            edges.is("THREAD " + none, "0 0", bench.house.inside(none, 10) + " " + bench.house.inside(none, 32));
+            edges.are("THREAD " + none, "0 0", bench.house.inside(none, 10), bench.house.inside(none, 32));
         }
         bench = new Bench(1);
         thread = bench.enclave(BASE, 256, 0, new Code().exit(5));
         bench.enter(thread, 3, 4);
         bench.call(7, 0);
         bench.call(8, 0);
-        edges.is("one that is no more", "0 0", bench.house.inside(thread, 10) + " " + bench.house.inside(thread, 32));
+        edges.are("one that is no more", "0 0", bench.house.inside(thread, 10), bench.house.inside(thread, 32));
     }
 
     private void place() {
@@ -399,17 +412,17 @@ final class PromiseEdges {
             for (int pc : new int[] {0, 4, 131072, -4, MIN, MAX - 3}) {
                 for (int mode = 0; mode < 2; mode++) {
                     edges.is("place", 0, house.place(hart, pc, mode));
-                    edges.is("PC and MODE", pc + " " + mode, house.count(14 + hart) + " " + house.count(12 + hart));
-                    edges.is("the other hart's", "0 1", house.count(15 - hart) + " " + house.count(13 - hart));
+                    edges.are("PC and MODE", pc + " " + mode, house.count(14 + hart), house.count(12 + hart));
+                    edges.are("the other hart's", "0 1", house.count(15 - hart), house.count(13 - hart));
                 }
             }
             house.poke(0x100, Code.WAIT, 0, 0, 0, 0);
             house.place(0, 0x100, 1);
             house.place(1, 0x100, 1);
             house.run(1);
-            edges.is("both WAIT", "1 1", house.count(10) + " " + house.count(11));
+            edges.are("both WAIT", "1 1", house.count(10), house.count(11));
             house.place(hart, 0x104, 1);
-            edges.is("one WAITS no more", "0 1", house.count(10 + hart) + " " + house.count(11 - hart));
+            edges.are("one WAITS no more", "0 1", house.count(10 + hart), house.count(11 - hart));
         }
     }
 
@@ -432,7 +445,7 @@ final class PromiseEdges {
                 edges.is("PC " + pc, -1, house.place(hart, pc, 0));
             }
         }
-        edges.is("all as it was, and they WAIT", "1 1 " + before, house.count(10) + " " + house.count(11) + " " + house.outside());
+        edges.are("all as it was, and they WAIT", "1 1 " + before, house.count(10), house.count(11), house.outside());
     }
 
     private void setControl() {
@@ -440,12 +453,13 @@ final class PromiseEdges {
         EnclaveHouse house = new EnclaveHouse(1);
         for (int hart = 0; hart < 2; hart++) {
             house.place(hart, 0, 0);
-            edges.is("in U as well", "0 " + (MIN + hart), house.setControl(hart, 0x140, MIN + hart) + " " + house.control(hart, 0x140));
-            edges.is("what is not kept", "0 786722", house.setControl(hart, 0x100, -1) + " " + house.control(hart, 0x100));
+            edges.are("in U as well", "0 " + (MIN + hart), house.setControl(hart, 0x140, MIN + hart),
+                house.control(hart, 0x140));
+            edges.are("what is not kept", "0 786722", house.setControl(hart, 0x100, -1), house.control(hart, 0x100));
         }
         Bench bench = new Bench(1);
         bench.call(5, bench.enclave(BASE, 256, 0, new Code().word(Code.jumping(0, 0))), 0, 0);
-        edges.is("while a THREAD runs", "0 9", bench.house.setControl(0, 0x140, 9) + " " + bench.house.control(0, 0x140));
+        edges.are("while a THREAD runs", "0 9", bench.house.setControl(0, 0x140, 9), bench.house.control(0, 0x140));
     }
 
     private void setControlRefused() {
@@ -456,9 +470,10 @@ final class PromiseEdges {
             edges.is("hart " + hart, -1, house.setControl(hart, 0x140, 5));
         }
         for (int number : new int[] {0xc01, 0xf14, 0, 0x101, 0x106, 0x181, 0xfff, 0x1140, -1, MIN, MAX}) {
-            edges.is("number " + number, "-1 -1", house.setControl(0, number, 5) + " " + house.setControl(1, number, 5));
+            edges.are("number " + number, "-1 -1", house.setControl(0, number, 5), house.setControl(1, number, 5));
         }
-        edges.is("all as it was", "0 0 1 " + before, house.control(0, 0xc01) + " " + house.control(0, 0xf14) + " " + house.control(1, 0xf14) + " " + house.outside());
+        edges.are("all as it was", "0 0 1 " + before, house.control(0, 0xc01), house.control(0, 0xf14),
+            house.control(1, 0xf14), house.outside());
     }
 
     private void control() {
@@ -469,20 +484,21 @@ final class PromiseEdges {
         house.run(3);
         for (int hart = 0; hart < 2; hart++) {
             house.place(hart, 0, 0);
-            edges.is("SCRATCH, COMPARE, TIME, the hart, though in U", (7 + hart) + " -1 3 " + hart, house.control(hart, 0x140) + " " + house.control(hart, 0x14d) + " "
-                + house.control(hart, 0xc01) + " " + house.control(hart, 0xf14));
+            edges.are("SCRATCH, COMPARE, TIME, the hart, though in U", (7 + hart) + " -1 3 " + hart,
+                house.control(hart, 0x140), house.control(hart, 0x14d), house.control(hart, 0xc01),
+                house.control(hart, 0xf14));
             for (int number : new int[] {0, 0x101, 0x14c, 0x14e, 0xc00, 0xc02, 0x114d, 0x14d - 4096, -1, MIN, MAX}) {
                 edges.is("number " + number, 0, house.control(hart, number));
             }
         }
         for (int hart : NO_HARTS) {
-            edges.is("hart " + hart, "0 0", house.control(hart, 0x14d) + " " + house.control(hart, 0xc01));
+            edges.are("hart " + hart, "0 0", house.control(hart, 0x14d), house.control(hart, 0xc01));
         }
     }
 
     private void call() {
-        edges.promise(13, "A CALL of the system on a hart, from outside: x17 is f; p, q, r, s are not put into registers; the PC stays: the answer "
-            + "(of 5 and 6, if they are not refused, the THREAD).");
+        edges.promise(13, "A CALL of the system on a hart, from outside: x17 is f; p, q, r, s are not put into "
+            + "registers; the PC stays: the answer (of 5 and 6, if they are not refused, the THREAD).");
         for (int hart = 0; hart < 2; hart++) {
             for (int mode = 0; mode < 2; mode++) {
                 EnclaveHouse house = new EnclaveHouse(1);
@@ -492,24 +508,21 @@ final class PromiseEdges {
                 house.place(hart, 0x400, mode);
                 edges.is("PUT", 1, house.call(hart, 12, 65, 1, 2, 3));
                 edges.is("refused", -1, house.call(hart, 99, 65, 1, 2, 3));
-                edges.is("PC and MODE", "1024 " + mode, house.count(14 + hart) + " " + house.count(12 + hart));
+                edges.are("PC and MODE", "1024 " + mode, house.count(14 + hart), house.count(12 + hart));
                 for (int n = 1; n < 32; n++) {
                     edges.is("x" + n, 100 + n, house.register(hart, n));
                 }
             }
         }
-        Bench bench = ThreadEdges.sixEnclaves();
-        for (int i = 0; i < 12; i++) {
-            bench.call(3, 5 - i / 3, 0, 0);
-        }
-        bench.call(4, 2, 0);
-        edges.is("ENTER of THREAD 11", "11 11", bench.call(5, 11) + " " + bench.house.count(8));
+        Bench bench = ThreadEdges.twelveThreads();
+        bench.call(4, 3, 0);
+        edges.are("ENTER of THREAD 11", "11 11", bench.call(5, 11), bench.house.count(8));
         edges.is("the PC stays", 0, bench.house.count(14));
         edges.is("refused", -2, bench.house.call(1, 5, 11, 0, 0, 0));
         bench.house.setControl(0, 0x104, 2);
         bench.house.setControl(0, 0x144, 2);
         bench.house.run(1);
-        edges.is("RESUME of THREAD 11", "11 11", bench.house.call(1, 6, 11, 0, 0, 0) + " " + bench.house.count(9));
+        edges.are("RESUME of THREAD 11", "11 11", bench.house.call(1, 6, 11, 0, 0, 0), bench.house.count(9));
         edges.is("refused", -2, bench.call(6, 11));
     }
 
@@ -518,15 +531,15 @@ final class PromiseEdges {
         Bench bench = new Bench(1);
         int thread = bench.enclave(BASE, 256, 0, new Code().word(Code.jumping(0, 0)));
         for (int hart : NO_HARTS) {
-            edges.is("hart " + hart, "-1 0", bench.house.call(hart, 12, 65, 0, 0, 0) + " " + bench.house.count(6));
+            edges.are("hart " + hart, "-1 0", bench.house.call(hart, 12, 65, 0, 0, 0), bench.house.count(6));
         }
         bench.house.call(1, 5, thread, 0, 0, 0);
         for (int f = 0; f < 23; f++) {
             edges.is("CALL " + f + " where a THREAD runs", -1, bench.house.call(1, f, 0, 0, 0, 0));
         }
         edges.is("on the other hart", 1, bench.call(12, 65));
-        edges.is("OFF", "0 -1 -1", bench.call(18) + " " + bench.call(12, 65) + " " + bench.call(18));
-        edges.is("nothing came of it", "1 2", bench.house.count(6) + " " + bench.house.thread(thread, 0));
+        edges.are("OFF", "0 -1 -1", bench.call(18), bench.call(12, 65), bench.call(18));
+        edges.are("nothing came of it", "1 2", bench.house.count(6), bench.house.thread(thread, 0));
     }
 
     private void run() {
@@ -535,30 +548,30 @@ final class PromiseEdges {
         int time = 0;
         for (int rounds : new int[] {0, 1, 2, 1999, 2000}) {
             time += rounds;
-            edges.is("rounds " + rounds, rounds + " " + time, house.run(rounds) + " " + house.count(0));
+            edges.are("rounds " + rounds, rounds + " " + time, house.run(rounds), house.count(0));
         }
         for (int hart = 0; hart < 2; hart++) {
             house = new EnclaveHouse(1);
             house.poke(0x100, Code.NOTHING, Code.NOTHING, Code.CALL, Code.NOTHING, 0);
             house.setRegister(hart, 17, 18);
             house.place(hart, 0x100, 1);
-            edges.is("hart " + hart + " goes OFF in the third one", "3 2", house.run(10) + " " + house.count(0));
-            edges.is("none any more", "0 0 2", house.run(0) + " " + house.run(2000) + " " + house.count(0));
+            edges.are("hart " + hart + " goes OFF in the third one", "3 2", house.run(10), house.count(0));
+            edges.are("none any more", "0 0 2", house.run(0), house.run(2000), house.count(0));
         }
         house = new EnclaveHouse(1);
         house.poke(0x100, Code.CALL, 0, 0, 0, 0);
         house.setRegister(0, 17, 18);
         house.place(0, 0x100, 1);
-        edges.is("the only one", "1 0 1", house.run(1) + " " + house.count(0) + " " + house.count(1));
+        edges.are("the only one", "1 0 1", house.run(1), house.count(0), house.count(1));
     }
 
     private void runRefused() {
         edges.promise(14, "NONE: another number.");
         EnclaveHouse house = new EnclaveHouse(1);
         for (int rounds : new int[] {-1, -2000, 2001, 4000, MIN, MAX}) {
-            edges.is("rounds " + rounds, "-1 0", house.run(rounds) + " " + house.count(0));
+            edges.are("rounds " + rounds, "-1 0", house.run(rounds), house.count(0));
         }
         house.call(0, 18, 0, 0, 0, 0);
-        edges.is("when it is OFF", "-1 -1", house.run(-1) + " " + house.run(2001));
+        edges.are("when it is OFF", "-1 -1", house.run(-1), house.run(2001));
     }
 }

@@ -48,8 +48,8 @@ final class RegionEdges {
     }
 
     private void sorts() {
-        edges.terms(4, 20, "each that there is has a SORT (1 PRIVATE, of one enclave; 2 SHARED, of the system and an enclave; "
-            + "3 a LINK, of two enclaves; 4 EXTRA, of one enclave), a base ");
+        edges.terms(4, 20, "each that there is has a SORT (1 PRIVATE, of one enclave; 2 SHARED, of the system and an "
+            + "enclave; 3 a LINK, of two enclaves; 4 EXTRA, of one enclave), a base ");
         Bench bench = new Bench(1);
         bench.call(1, 0x8000, 256);
         bench.call(1, 0x8100, 256);
@@ -57,7 +57,8 @@ final class RegionEdges {
         bench.call(9, 1, 0x8200, 256);
         bench.call(10, 1, 0, 0x8300, 256);
         bench.call(20, 1, 0x8400, 256);
-        int[][] due = {{1, 0x8000, 256, 0, -1, 0}, {1, 0x8100, 256, 1, -1, 0}, {2, 0x8200, 256, 1, -1, 0}, {3, 0x8300, 256, 1, 0, 0},
+        int[][] due = {{1, 0x8000, 256, 0, -1, 0}, {1, 0x8100, 256, 1, -1, 0}, {2, 0x8200, 256, 1, -1, 0},
+            {3, 0x8300, 256, 1, 0, 0},
             {4, 0x8400, 256, 1, -1, 0}, {0, -1, -1, -1, -1, -1}};
         for (int i = 0; i < due.length; i++) {
             for (int what = 0; what < 6; what++) {
@@ -72,14 +73,16 @@ final class RegionEdges {
             for (int base : new int[] {0, size, 131072 - size}) {
                 Bench bench = new Bench(1);
                 edges.is("a size of " + size + " at " + base, 0, bench.call(1, base, size));
-                edges.is("where it is", base + " " + size, bench.house.region(0, 1) + " " + bench.house.region(0, 2));
+                edges.are("where it is", base + " " + size, bench.house.region(0, 1), bench.house.region(0, 2));
             }
-            int[] bases = {size / 2, size - 1, size + 1, size + 4, 131072, 131072 - size / 2, -size, -256, -1, MIN, MAX, MAX - size + 1};
+            int[] bases = {size / 2, size - 1, size + 1, size + 4, 131072, 131072 - size / 2, -size, -256, -1, MIN,
+                MAX, MAX - size + 1};
             for (int base : bases) {
                 edges.is("a size of " + size + " at " + base, -1, new Bench(1).call(1, base, size));
             }
         }
-        int[] sizes = {0, 1, 4, 64, 128, 255, 257, 384, 768, 1000, 32767, 32769, 49152, 65536, 131072, 1 << 30, -256, -1, -32768, MIN, MAX};
+        int[] sizes = {0, 1, 4, 64, 128, 255, 257, 384, 768, 1000, 32767, 32769, 49152, 65536, 131072, 1 << 30, -256,
+            -1, -32768, MIN, MAX};
         for (int size : sizes) {
             edges.is("no size " + size, -1, new Bench(1).call(1, 0, size));
             edges.is("no size " + size + " of what is SHARED", -1, twelveRegions().call(9, 0, 0, size));
@@ -88,7 +91,8 @@ final class RegionEdges {
 
     private void noByteInCommon() {
         edges.terms(4, 13, "No two have a byte in common.");
-        int[][] given = {{0x8000, 256, 0}, {0x8100, 256, 0}, {0x8200, 256, -4}, {0x8300, 256, -4}, {0x8400, 256, 0}, {0x8200, 512, -4},
+        int[][] given = {{0x8000, 256, 0}, {0x8100, 256, 0}, {0x8200, 256, -4}, {0x8300, 256, -4}, {0x8400, 256, 0},
+            {0x8200, 512, -4},
             {0x8000, 512, 0}, {0x8000, 1024, -4}, {0x8000, 32768, -4}, {0x8400, 1024, 0}};
         for (int[] one : given) {
             Bench bench = new Bench(1);
@@ -129,12 +133,13 @@ final class RegionEdges {
         }
         bench.call(11, 4);
         bench.call(11, 3);
-        edges.is("what was a LINK or EXTRA is in none", "0 0", bench.house.poke(0x8300, 1, 1, 1, 1, 1) + " "
-            + bench.house.poke(0x84ec, 1, 1, 1, 1, 1));
+        edges.are("what was a LINK or EXTRA is in none", "0 0", bench.house.poke(0x8300, 1, 1, 1, 1, 1),
+            bench.house.poke(0x84ec, 1, 1, 1, 1, 1));
     }
 
     private void rowOfEntries() {
-        edges.terms(4, 21, "ENTRIES of a hart are a row, each of a base, a size and RIGHTS (1 load, 2 store, 4 fetch).");
+        edges.terms(4, 21, "ENTRIES of a hart are a row, each of a base, a size and RIGHTS (1 load, 2 store, 4 "
+            + "fetch).");
         EnclaveHouse house = new EnclaveHouse(1);
         edges.is("ENTRY 0", "0 131072 7", entry(house, 0, 0));
         for (int i : new int[] {-1, 1, 12, MIN, MAX}) {
@@ -150,8 +155,8 @@ final class RegionEdges {
     }
 
     private void entriesOfTheSystem() {
-        edges.terms(4, 21, "With the system: for each REGION that is not OPEN, by numbers, one without RIGHTS; then one of all MEMORY "
-            + "with all.");
+        edges.terms(4, 21, "With the system: for each REGION that is not OPEN, by numbers, one without RIGHTS; then "
+            + "one of all MEMORY with all.");
         Bench bench = new Bench(1);
         bench.call(1, 0x9000, 256);
         bench.call(1, 0x8000, 512);
@@ -177,8 +182,8 @@ final class RegionEdges {
     }
 
     private void entriesOfAThread() {
-        edges.terms(4, 21, "With a THREAD: its enclave's PRIVATE REGION with all; then each SHARED REGION, LINK, EXTRA of it that it "
-            + "ACCEPTED, by numbers, with load and store (EXTRA with all).");
+        edges.terms(4, 21, "With a THREAD: its enclave's PRIVATE REGION with all; then each SHARED REGION, LINK, "
+            + "EXTRA of it that it ACCEPTED, by numbers, with load and store (EXTRA with all).");
         Bench bench = new Bench(1);
         bench.call(1, 0x7000, 256);
         Agent agent = new Agent(bench, 0x8000);
@@ -191,7 +196,8 @@ final class RegionEdges {
         bench.call(6, agent.thread, 0);
         String[] due = {"32768 1024 7", "123136 256 3", "36864 256 7", "45056 256 3", "-1 -1 -1"};
         for (int i = 0; i < due.length; i++) {
-            edges.is("ENTRY " + i + ", a LINK and another's SHARED REGION are not ACCEPTED", due[i], entry(bench.house, 0, i));
+            edges.is("ENTRY " + i + ", a LINK and another's SHARED REGION are not ACCEPTED", due[i],
+                entry(bench.house, 0, i));
         }
         edges.is("the other hart has the system", "28672 256 0", entry(bench.house, 1, 0));
         bench.house.run(10);
@@ -204,14 +210,15 @@ final class RegionEdges {
     }
 
     private void letThroughByOne() {
-        edges.terms(4, 14, "Bytes are LET THROUGH for an access by the first ENTRY that has one of them: if that has them all and the right; ");
+        edges.terms(4, 14, "Bytes are LET THROUGH for an access by the first ENTRY that has one of them: if that has "
+            + "them all and the right; ");
         int[][] given = {{0x8000 - 4, 5}, {0x8000, 0}, {0x80fc, 0}, {0x8100, 5}};
         for (int[] one : given) {
             Bench bench = new Bench(1);
             int thread = bench.enclave(0x8000, 256, 0, new Code().set(5, one[0]).load(2, 6, 5, 0).exit(0));
             bench.enter(thread, 0, 0);
-            edges.is("a THREAD's word at " + one[0], one[1] == 0 ? "0 0" : "3 " + one[1], bench.house.register(0, 10) + " "
-                + bench.house.register(0, 11));
+            edges.are("a THREAD's word at " + one[0], one[1] == 0 ? "0 0" : "3 " + one[1], bench.house.register(0, 10),
+                bench.house.register(0, 11));
             Steps steps = new Steps(Code.byNumber(3, 7, 2, 5, 0)).set(5, one[0]);
             steps.house.call(0, 1, 0x8000, 256, 0, 0);
             edges.is("the system's word at " + one[0], one[1] == 0 ? "5 " + one[0] : "none", steps.run(1).trap());
@@ -228,7 +235,8 @@ final class RegionEdges {
                 for (int access = 0; access < 3; access++) {
                     Bench bench = new Bench(1);
                     bench.call(1, 0x7000, 256);
-                    Code code = new Code().set(17, accepted == 1 ? 38 : 99).word(Code.CALL).set(5, 0xa000).word(words[access]).exit(0);
+                    Code code = new Code().set(17, accepted == 1 ? 38 : 99).word(Code.CALL).set(5, 0xa000)
+                        .word(words[access]).exit(0);
                     int thread = bench.enclave(0x8000, 256, 0, code);
                     int region = sort == 2 ? bench.call(9, 1, 0xa000, 256)
                         : sort == 3 ? bench.call(10, 0, 1, 0xa000, 256) : bench.call(20, 1, 0xa000, 256);
@@ -236,8 +244,8 @@ final class RegionEdges {
                     boolean may = accepted == 1 && (access < 2 || sort == 4);
                     // What it goes on at is 0 everywhere, which is ILLEGAL.
                     String due = !may ? "3 " + denials[access] : access == 2 ? "3 2" : "0 0";
-                    edges.is("SORT " + sort + ", ACCEPTED " + accepted + ", access " + access, due, bench.house.register(0, 10) + " "
-                        + bench.house.register(0, 11));
+                    edges.are("SORT " + sort + ", ACCEPTED " + accepted + ", access " + access, due,
+                        bench.house.register(0, 10), bench.house.register(0, 11));
                 }
             }
         }
@@ -250,10 +258,11 @@ final class RegionEdges {
             bench.call(1, 0x9000, 256);
             int thread = bench.enclave(0x8000, 256, 0, new Code().set(5, place).store(2, 5, 6, 0).exit(0));
             bench.enter(thread, 0, 0);
-            edges.is("a THREAD's store at " + place, "3 7", bench.house.register(0, 10) + " " + bench.house.register(0, 11));
+            edges.are("a THREAD's store at " + place, "3 7", bench.house.register(0, 10), bench.house.register(0, 11));
         }
         for (int place : new int[] {131072, -4, MIN}) {
-            edges.is("the system's load at " + place, "5 " + place, new Steps(Code.byNumber(3, 7, 2, 5, 0)).set(5, place).run(1).trap());
+            edges.is("the system's load at " + place, "5 " + place, new Steps(Code.byNumber(3, 7, 2, 5, 0))
+                .set(5, place).run(1).trap());
         }
         Bench bench = new Bench(1);
         Agent agent = new Agent(bench, 0x1fc00);

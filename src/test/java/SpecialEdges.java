@@ -39,13 +39,14 @@ final class SpecialEdges {
     }
 
     private void reserving() {
-        edges.terms(2, 14, "47, f 2, by g / 4 (its two lowest bits do not count), on the word at x[a]: 2, b 0: x[d] is loaded, and ");
+        edges.terms(2, 14, "47, f 2, by g / 4 (its two lowest bits do not count), on the word at x[a]: 2, b 0: x[d] "
+            + "is loaded, and ");
         for (int low = 0; low < 4; low++) {
             edges.is("2 with " + low, 41, at(RESERVE | low << 25).run(1).x(7));
             Steps steps = at(Code.inMemory(0, 7, 5, 6) | low << 25).run(1);
-            edges.is("0 with " + low, "41 140", steps.x(7) + " " + steps.house.word(DATA));
+            edges.are("0 with " + low, "41 140", steps.x(7), steps.house.word(DATA));
             steps = at(RESERVE, STORE_IF | low << 25).run(2);
-            edges.is("3 with " + low, "0 99", steps.x(8) + " " + steps.house.word(DATA));
+            edges.are("3 with " + low, "0 99", steps.x(8), steps.house.word(DATA));
         }
         for (int a : new int[] {1, 2, 4, 8, 16, 31}) {
             edges.is("2, a " + a, 41, at(Code.inMemory(2, 7, a, 0)).set(a, DATA).run(1).x(7));
@@ -83,7 +84,8 @@ final class SpecialEdges {
     }
 
     private void storingIf() {
-        edges.terms(2, 14, "3: if the RESERVATION is that word x[b] is stored and x[d] is 0, else x[d] is 1; the hart has none then.");
+        edges.terms(2, 14, "3: if the RESERVATION is that word x[b] is stored and x[d] is 0, else x[d] is 1; the "
+            + "hart has none then.");
         edges.is("none at first", "1 41", line(at(STORE_IF).run(1)));
         edges.is("none at place 0 at first", 1, new Steps(STORE_IF).set(5, 0).run(1).x(8));
         edges.is("that word", "0 99", line(at(RESERVE, STORE_IF).run(2)));
@@ -91,11 +93,12 @@ final class SpecialEdges {
         for (int beside : new int[] {-4, 4}) {
             Steps steps = at(RESERVE, STORE_IF, Code.inMemory(3, 9, 10, 6)).set(10, DATA);
             steps.run(1).set(5, DATA + beside).run(2);
-            edges.is("the word beside it, and none then", "1 1 41", steps.x(8) + " " + steps.x(9) + " " + steps.house.word(DATA));
+            edges.are("the word beside it, and none then", "1 1 41", steps.x(8), steps.x(9), steps.house.word(DATA));
         }
-        edges.is("a new one is instead of the old one", 1, at(RESERVE, Code.inMemory(2, 9, 10, 0), STORE_IF).set(10, DATA + 4).run(3).x(8));
+        edges.is("a new one is instead of the old one", 1, at(RESERVE, Code.inMemory(2, 9, 10, 0), STORE_IF)
+            .set(10, DATA + 4).run(3).x(8));
         Steps steps = at(RESERVE, Code.inMemory(3, 6, 5, 6)).run(2);
-        edges.is("d is b", "0 99", steps.x(6) + " " + steps.house.word(DATA));
+        edges.are("d is b", "0 99", steps.x(6), steps.house.word(DATA));
         steps = at(RESERVE);
         steps.house.place(1, Steps.AT + 8, 1);
         steps.at(Steps.AT, RESERVE, Code.NOTHING, Code.NOTHING, STORE_IF).run(1);
@@ -110,19 +113,20 @@ final class SpecialEdges {
     }
 
     private void others() {
-        edges.terms(2, 14, "Others: x[d] is loaded, and what is stored is, of that and x[b], 1: x[b]; 0: the sum; 4: xor; 8: or; "
-            + "12: and; 16: the lesser; 20: the greater; 24: the lesser U; 28: the greater U.");
+        edges.terms(2, 14, "Others: x[d] is loaded, and what is stored is, of that and x[b], 1: x[b]; 0: the sum; 4: "
+            + "xor; 8: or; 12: and; 16: the lesser; 20: the greater; 24: the lesser U; 28: the greater U.");
         int[][] pairs = {{MAX, 1}, {MIN, -1}, {0, 0}, {-1, 0}, {0, -1}, {MIN, MAX}, {MAX, MIN}, {12, 10}, {7, 7}};
         for (int[] pair : pairs) {
             int was = pair[0];
             int x6 = pair[1];
             boolean belowU = (was & 0xffffffffL) < (x6 & 0xffffffffL);
-            int[][] due = {{1, x6}, {0, was + x6}, {4, was ^ x6}, {8, was | x6}, {12, was & x6}, {16, Math.min(was, x6)},
+            int[][] due = {{1, x6}, {0, was + x6}, {4, was ^ x6}, {8, was | x6}, {12, was & x6},
+                {16, Math.min(was, x6)},
                 {20, Math.max(was, x6)}, {24, belowU ? was : x6}, {28, belowU ? x6 : was}};
             for (int[] one : due) {
                 Steps steps = new Steps(Code.inMemory(one[0], 7, 5, 6)).at(DATA, was, 5).set(5, DATA).set(6, x6).run(1);
-                edges.is("kind " + one[0] + " of " + was + ", " + x6, was + " " + one[1] + " 5",
-                    steps.x(7) + " " + steps.house.word(DATA) + " " + steps.house.word(DATA + 4));
+                edges.are("kind " + one[0] + " of " + was + ", " + x6, was + " " + one[1] + " 5", steps.x(7),
+                    steps.house.word(DATA), steps.house.word(DATA + 4));
             }
         }
     }
@@ -133,7 +137,8 @@ final class SpecialEdges {
             int word = Code.inMemory(kind, 7, 5, 0);
             boolean loads = kind == 2;
             for (int off = 1; off < 4; off++) {
-                edges.is(kind + " at no multiple of 4", (loads ? "4 " : "6 ") + (DATA + off), at(word).set(5, DATA + off).run(1).trap());
+                edges.is(kind + " at no multiple of 4", (loads ? "4 " : "6 ") + (DATA + off), at(word)
+                    .set(5, DATA + off).run(1).trap());
             }
             edges.is(kind + " behind MEMORY", (loads ? "5 " : "7 ") + 131072, at(word).set(5, 131072).run(1).trap());
             edges.is(kind + " far off", (loads ? "5 " : "7 ") + -4, at(word).set(5, -4).run(1).trap());
@@ -153,14 +158,17 @@ final class SpecialEdges {
         edges.terms(2, 14, "A RESERVATION is lost, too, when a byte of its word is stored by anybody ");
         for (int offset = -1; offset < 5; offset++) {
             boolean ofIt = offset >= 0 && offset < 4;
-            edges.is("a byte at " + offset, ofIt ? 1 : 0, at(RESERVE, Code.storing(0, 5, 0, offset), STORE_IF).run(3).x(8));
+            edges.is("a byte at " + offset, ofIt ? 1 : 0, at(RESERVE, Code.storing(0, 5, 0, offset), STORE_IF).run(3)
+                .x(8));
         }
         for (int offset : new int[] {-2, 0, 2, 4}) {
             boolean ofIt = offset >= 0 && offset < 4;
-            edges.is("two bytes at " + offset, ofIt ? 1 : 0, at(RESERVE, Code.storing(1, 5, 0, offset), STORE_IF).run(3).x(8));
+            edges.is("two bytes at " + offset, ofIt ? 1 : 0, at(RESERVE, Code.storing(1, 5, 0, offset), STORE_IF)
+                .run(3).x(8));
         }
         for (int offset : new int[] {-4, 0, 4}) {
-            edges.is("a word at " + offset, offset == 0 ? 1 : 0, at(RESERVE, Code.storing(2, 5, 0, offset), STORE_IF).run(3).x(8));
+            edges.is("a word at " + offset, offset == 0 ? 1 : 0, at(RESERVE, Code.storing(2, 5, 0, offset), STORE_IF)
+                .run(3).x(8));
         }
         edges.is("what was there already", 1, at(RESERVE, Code.storing(2, 5, 7, 0), STORE_IF).run(3).x(8));
         edges.is("op 47", 1, at(RESERVE, Code.inMemory(8, 9, 5, 0), STORE_IF).run(3).x(8));
@@ -187,7 +195,7 @@ final class SpecialEdges {
         steps.house.place(1, 0x200, 1);
         steps.house.setRegister(1, 5, DATA);
         steps.run(3);
-        edges.is("both reserve, hart 0 stores first", "0 1", steps.x(8) + " " + steps.house.register(1, 8));
+        edges.are("both reserve, hart 0 stores first", "0 1", steps.x(8), steps.house.register(1, 8));
     }
 
     private void lostByDevices() {
@@ -204,7 +212,7 @@ final class SpecialEdges {
         failing.house.call(0, 1, DATA + 0x100, 256, 0, 0);
         failing.house.call(0, 14, 0, 0, DATA + 0x40, 0);
         failing.set(5, DATA + 0xfc).run(6);
-        edges.is("a DMA that FAILED is no store", "0 1", failing.x(8) + " " + failing.house.count(18));
+        edges.are("a DMA that FAILED is no store", "0 1", failing.x(8), failing.house.count(18));
         for (int place : new int[] {DATA - 20, DATA - 16, DATA, DATA + 4}) {
             Steps steps = at(RESERVE, STORE_IF).run(1);
             steps.house.poke(place, 1, 1, 1, 1, 1);
@@ -263,7 +271,8 @@ final class SpecialEdges {
             bench.house.setControl(0, 0x144, 0);
             bench.house.place(hart, 0x208, 1);
             bench.house.run(1);
-            edges.is("a THREAD ran on hart 0, reserved was on " + hart, hart == 0 ? 1 : 0, bench.house.register(hart, 8));
+            edges.is("a THREAD ran on hart 0, reserved was on " + hart, hart == 0 ? 1 : 0,
+                bench.house.register(hart, 8));
         }
         edges.is("reserved by the system, tried by the THREAD", 1, reservedAcross(false));
         edges.is("reserved by the THREAD, tried by the system", 1, reservedAcross(true));
@@ -272,7 +281,8 @@ final class SpecialEdges {
     /** The word is SHARED, so that both can reach it. */
     private static int reservedAcross(boolean byThread) {
         Bench bench = new Bench(1);
-        Code code = new Code().word(Code.byNumber(19, 5, 0, 11, 0)).set(17, 38).word(Code.CALL).set(17, 33).word(Code.CALL)
+        Code code = new Code().word(Code.byNumber(19, 5, 0, 11, 0)).set(17, 38).word(Code.CALL).set(17, 33)
+            .word(Code.CALL)
             .word(byThread ? RESERVE : STORE_IF).set(17, 33).word(Code.CALL);
         int thread = bench.enclave(0x8000, 256, 0, code);
         bench.call(9, 0, SHARED, 256);
@@ -291,13 +301,14 @@ final class SpecialEdges {
     }
 
     private void controlKinds() {
-        edges.terms(2, 14, "115, f 1, 2, 3, 5, 6, 7: control register bits 31 .. 20 (U); the number is x[a], for f above 4 the field a: "
-            + "f 1, 5 it is written; 2, 6 the register's bits that are in it are set; 3, 7 cleared; x[d] gets what it was.");
+        edges.terms(2, 14, "115, f 1, 2, 3, 5, 6, 7: control register bits 31 .. 20 (U); the number is x[a], for f "
+            + "above 4 the field a: f 1, 5 it is written; 2, 6 the register's bits that are in it are set; 3, 7 "
+            + "cleared; x[d] gets what it was.");
         for (int f : new int[] {1, 2, 3, 5, 6, 7}) {
             int number = f > 4 ? 5 : 10;
             int due = (f & 3) == 1 ? number : (f & 3) == 2 ? 12 | number : 12 & ~number;
             Steps steps = new Steps(Code.control(7, f, 5, 0x140)).control(0x140, 12).set(5, 10).run(1);
-            edges.is("f " + f, "12 " + due, steps.x(7) + " " + steps.control(0x140));
+            edges.are("f " + f, "12 " + due, steps.x(7), steps.control(0x140));
             steps = new Steps(Code.control(7, f, 31, 0x140)).control(0x140, 0).set(31, -1).run(1);
             edges.is("f " + f + " with all", (f & 3) == 3 ? 0 : f > 4 ? 31 : -1, steps.control(0x140));
         }
@@ -305,7 +316,8 @@ final class SpecialEdges {
         edges.is("f 4", "2 " + word, new Steps(word).run(1).trap());
         edges.is("a number above 2,047", 1, new Steps(Code.NOTHING, Code.control(7, 2, 0, 0xc01)).run(2).x(7));
         edges.is("0xf14", 0, new Steps(Code.control(7, 2, 0, 0xf14)).set(7, 9).run(1).x(7));
-        edges.is("what a write does not keep", 2, new Steps(Code.control(7, 1, 5, 0x144)).set(5, -1).run(1).control(0x144));
+        edges.is("what a write does not keep", 2, new Steps(Code.control(7, 1, 5, 0x144)).set(5, -1).run(1)
+            .control(0x144));
     }
 
     private void controlWithoutWrite() {
@@ -313,25 +325,29 @@ final class SpecialEdges {
         for (int f : new int[] {1, 2, 3, 5, 6, 7}) {
             boolean writes = (f & 3) == 1;
             int word = Code.control(7, f, 0, 0xf14);
-            edges.is("f " + f + " of 0xf14 with field a 0", writes ? "2 " + word : "none", new Steps(word).run(1).trap());
+            edges.is("f " + f + " of 0xf14 with field a 0", writes ? "2 " + word : "none", new Steps(word).run(1)
+                .trap());
             word = Code.control(7, f, 5, 0xc01);
             edges.is("f " + f + " of 0xc01 by x5, which is 0", "2 " + word, new Steps(word).set(5, 0).run(1).trap());
             Steps steps = new Steps(Code.control(7, f, 0, 0x140)).control(0x140, 12).run(1);
-            edges.is("f " + f + " of SCRATCH with field a 0", "12 " + (writes ? 0 : 12), steps.x(7) + " " + steps.control(0x140));
+            edges.are("f " + f + " of SCRATCH with field a 0", "12 " + (writes ? 0 : 12), steps.x(7),
+                steps.control(0x140));
         }
     }
 
     private void calls() {
-        edges.terms(2, 14, "f 0, with d 0 and a 0: bits 31 .. 20 being 0: a CALL (6), with a THREAD or in S; in U exception 8.");
+        edges.terms(2, 14, "f 0, with d 0 and a 0: bits 31 .. 20 being 0: a CALL (6), with a THREAD or in S; in U "
+            + "exception 8.");
         Steps steps = new Steps(Code.CALL).set(17, 12).set(10, 65).run(1);
-        edges.is("in S", "1 1 260", steps.x(10) + " " + steps.house.count(6) + " " + steps.pc());
+        edges.are("in S", "1 1 260", steps.x(10), steps.house.count(6), steps.pc());
         steps = new Steps(Code.CALL).set(17, 12).set(10, 65).from(Steps.AT, 0).run(1);
         edges.is("in U", "8 0, 0", steps.trap() + ", " + steps.house.count(6));
         Bench bench = new Bench(1);
         int thread = bench.enclave(0x8000, 256, 0, new Code().exit(4));
         bench.house.place(0, 0x200, 0);
         bench.enter(thread, 0, 0);
-        edges.is("with a THREAD, the system being in U", "0 4", bench.house.register(0, 10) + " " + bench.house.register(0, 11));
+        edges.are("with a THREAD, the system being in U", "0 4", bench.house.register(0, 10),
+            bench.house.register(0, 11));
         for (int bit = 7; bit < 32; bit++) {
             int word = Code.CALL | 1 << bit;
             // Bit 20 is exception 3, and bits 12 to 14 are the field f.
@@ -348,7 +364,7 @@ final class SpecialEdges {
         }
         Bench bench = new Bench(1);
         bench.enter(bench.enclave(0x8000, 256, 0, new Code().word(Code.BREAK)), 0, 0);
-        edges.is("with a THREAD", "3 3", bench.house.register(0, 10) + " " + bench.house.register(0, 11));
+        edges.are("with a THREAD", "3 3", bench.house.register(0, 10), bench.house.register(0, 11));
         for (int word : new int[] {Code.BREAK | 1 << 7, Code.BREAK | 1 << 15, 2 << 20 | 115}) {
             edges.is("nearly so", "2 " + word, new Steps(word).run(1).trap());
         }
@@ -357,10 +373,12 @@ final class SpecialEdges {
     private void leavingTraps() {
         edges.terms(2, 14, "258: in S: on at EPC, the MODE is PP, IE becomes PIE, PIE 1, PP 0.");
         int others = 1 << 18 | 1 << 19;
-        int[][] given = {{0, 32, 0}, {32, 34, 0}, {256, 32, 1}, {2 | 256, 32, 1}, {2 | 32 | 256 | others, 34 | others, 1}, {2, 32, 0}};
+        int[][] given = {{0, 32, 0}, {32, 34, 0}, {256, 32, 1}, {2 | 256, 32, 1},
+            {2 | 32 | 256 | others, 34 | others, 1}, {2, 32, 0}};
         for (int[] one : given) {
             Steps steps = new Steps(Code.LEAVE_TRAP).control(0x141, 0x600).control(0x100, one[0]).run(1);
-            edges.is("STATUS " + one[0], one[1] + " " + one[2] + " 1536", steps.control(0x100) + " " + steps.house.count(12) + " " + steps.pc());
+            edges.are("STATUS " + one[0], one[1] + " " + one[2] + " 1536", steps.control(0x100), steps.house.count(12),
+                steps.pc());
         }
         edges.is("EPC at the end of all", -4, new Steps(Code.LEAVE_TRAP).control(0x141, -1).run(1).pc());
     }
@@ -368,29 +386,31 @@ final class SpecialEdges {
     private void waits() {
         edges.terms(2, 14, "261: in S: the hart WAITS. f 0, d 0 and g 9, a and b any: in S nothing.");
         Steps steps = new Steps(Code.WAIT).run(1);
-        edges.is("WAITS, PC", "1 0 260", steps.house.count(10) + " " + (steps.house.count(11) - 1) + " " + steps.pc());
+        edges.are("WAITS, PC", "1 0 260", steps.house.count(10), (steps.house.count(11) - 1), steps.pc());
         for (int a : new int[] {0, 1, 31}) {
             for (int b : new int[] {0, 1, 31}) {
                 steps = new Steps(Code.byRegister(115, 0, 0, a, b, 9)).run(1);
-                edges.is("g 9, a " + a + ", b " + b, "none 260", steps.trap() + " " + steps.pc());
+                edges.are("g 9, a " + a + ", b " + b, "none 260", steps.trap(), steps.pc());
             }
         }
         for (int word : new int[] {Code.byRegister(115, 1, 0, 0, 0, 9), Code.byRegister(115, 31, 0, 0, 0, 9),
-            Code.byRegister(115, 0, 0, 0, 0, 8), Code.byRegister(115, 0, 0, 0, 0, 10), Code.WAIT | 1 << 15, Code.WAIT | 1 << 7}) {
+            Code.byRegister(115, 0, 0, 0, 0, 8), Code.byRegister(115, 0, 0, 0, 0, 10), Code.WAIT | 1 << 15,
+            Code.WAIT | 1 << 7}) {
             edges.is("nearly so", "2 " + word, new Steps(word).run(1).trap());
         }
     }
 
     private void illegalElsewhere() {
         edges.terms(2, 14, "(258, 261 and this are ILLEGAL elsewhere.)");
-        for (int word : new int[] {Code.LEAVE_TRAP, Code.WAIT, Code.byRegister(115, 0, 0, 0, 0, 9), Code.byRegister(115, 0, 0, 31, 31, 9)}) {
+        for (int word : new int[] {Code.LEAVE_TRAP, Code.WAIT, Code.byRegister(115, 0, 0, 0, 0, 9),
+            Code.byRegister(115, 0, 0, 31, 31, 9)}) {
             Steps steps = new Steps(word).control(0x100, 256).from(Steps.AT, 0).run(1);
             edges.is("in U", "2 " + word + ", 0", steps.trap() + ", " + steps.house.count(10));
             Bench bench = new Bench(1);
             int thread = bench.enclave(0x8000, 256, 0, new Code().word(word));
             bench.enter(thread, 0, 0);
-            edges.is("with a THREAD", "5 3 2 0", bench.house.thread(thread, 0) + " " + bench.house.register(0, 10) + " "
-                + bench.house.register(0, 11) + " " + bench.house.count(10));
+            edges.are("with a THREAD", "5 3 2 0", bench.house.thread(thread, 0), bench.house.register(0, 10),
+                bench.house.register(0, 11), bench.house.count(10));
         }
     }
 }

@@ -28,7 +28,8 @@ final class Steps {
 
     /** One word alone; those around it stay. */
     Steps oneAt(int place, int word) {
-        house.poke(place, word, house.word(place + 4), house.word(place + 8), house.word(place + 12), house.word(place + 16));
+        house.poke(place, word, house.word(place + 4), house.word(place + 8), house.word(place + 12),
+            house.word(place + 16));
         return this;
     }
 

@@ -65,25 +65,45 @@ final class ThreadCallEdges {
 
     /** f, how many bytes, which of p and q is their place (0, 1), and the other one. */
     private static final int[][] REACHES = {
-        {34, 32, 0, DATA}, {34, 128, 1, DATA}, {35, 32, 1, 7}, {36, 32, 0, 32}, {36, 1, 0, 1}, {37, 128, 0, 0}, {39, 32, 0, 0},
+        {34, 32, 0, DATA}, {34, 128, 1, DATA}, {35, 32, 1, 7}, {36, 32, 0, 32}, {36, 1, 0, 1}, {37, 128, 0, 0},
+            {39, 32, 0, 0},
         {41, 64, 0, 0}, {49, 32, 0, 0}, {50, 32, 0, 0}
     };
 
     private void letThrough() {
-        edges.terms(6, 14, "Of THREADS (p and so on likewise; what is read or written must be LET THROUGH byte by byte, else BAD; ");
+        edges.terms(6, 14, "Of THREADS (p and so on likewise; what is read or written must be LET THROUGH byte by "
+            + "byte, else BAD; ");
         for (int[] one : REACHES) {
             Agent agent = withExtra();
             int n = one[1];
-            int[] places = {EXTRA, EXTRA + 256 - n, EXTRA - 1, EXTRA + 257 - n, EXTRA - n, EXTRA + 256, 0, 131072 - n, 131072, -n, -1, MIN, MAX, BASE + 1025 - n};
+            int[] places = {EXTRA, EXTRA + 256 - n, EXTRA - 1, EXTRA + 257 - n, EXTRA - n, EXTRA + 256, 0, 131072 - n,
+                131072, -n, -1, MIN, MAX, BASE + 1025 - n};
             for (int i = 0; i < places.length; i++) {
                 int[] given = {one[3], one[3]};
                 given[one[2]] = places[i];
-                edges.is("CALL " + one[0] + ", " + n + " bytes at " + places[i], i < 2 ? 0 : -1, agent.ask(one[0], given));
+                edges.is("CALL " + one[0] + ", " + n + " bytes at " + places[i], i < 2 ? 0 : -1,
+                    agent.ask(one[0], given));
+            }
+        }
+        // A SHARED REGION and a LINK, where nothing is fetched.
+        for (int[] one : REACHES) {
+            Bench bench = new Bench(SEED);
+            Agent agent = new Agent(bench, BASE);
+            bench.call(1, 0x7000, 256);
+            agent.ask(38, bench.call(9, 0, EXTRA, 256));
+            agent.ask(38, bench.call(10, 0, 1, EXTRA + 512, 256));
+            for (int place : new int[] {EXTRA, EXTRA + 256 - one[1], EXTRA + 512, EXTRA + 768 - one[1]}) {
+                int[] given = {one[3], one[3]};
+                given[one[2]] = place;
+                edges.is("CALL " + one[0] + ", " + one[1] + " bytes at " + place, 0, agent.ask(one[0], given));
             }
         }
         Bench bench = new Bench(SEED);
         Agent other = new Agent(bench, 0x9000);
         Agent agent = new Agent(bench, BASE);
+        int shared = bench.call(9, 1, EXTRA, 256);
+        agent.ask(38, shared);
+        edges.are("SEND from a SHARED REGION", "0 1", agent.ask(40, 0, EXTRA + 224), other.ask(41, 0x9300));
         int[] places = {BASE + 1024 - 32, BASE, BASE + 1024 - 31, BASE - 1, 0x9000, 0, 131072 - 31, -32, MAX};
         for (int i = 0; i < places.length; i++) {
             edges.is("SEND from " + places[i], i < 2 ? 0 : -1, agent.ask(40, 0, places[i]));
@@ -152,7 +172,7 @@ final class ThreadCallEdges {
         refused("COUNT: FULL", ThreadCallEdges::ninth, -5, 42);
         Agent agent = withMail();
         agent.ask(41, BASE + 1024 - 63);
-        edges.is("the mail is there still", "1 1", agent.bench.house.enclave(1, 6) + " " + agent.ask(41, DATA));
+        edges.are("the mail is there still", "1 1", agent.bench.house.enclave(1, 6), agent.ask(41, DATA));
         agent = new Agent(new Bench(SEED), BASE);
         agent.ask(49, BASE + 1024 - 31);
         agent.ask(34, DATA + 0x100, DATA);
@@ -204,8 +224,10 @@ final class ThreadCallEdges {
                 Bench bench = new Bench(SEED);
                 int thread = bench.enclave(BASE, 256, 0, new Code().call(f, value, 9));
                 bench.enter(thread, 1, 2);
-                edges.is("CALL " + f + " with " + value, (f - 32) + " " + value + " 0, " + (f == 32 ? 1 : 4), bench.house.register(0, 10) + " "
-                    + bench.house.register(0, 11) + " " + bench.house.register(0, 12) + ", " + bench.house.thread(thread, 0));
+                edges.is("CALL " + f + " with " + value, (f - 32) + " " + value + " 0, " + (f == 32 ? 1 : 4),
+                    bench.house.register(0, 10) + " "
+                    + bench.house.register(0, 11) + " " + bench.house.register(0, 12) + ", "
+                    + bench.house.thread(thread, 0));
             }
         }
     }
@@ -217,8 +239,10 @@ final class ThreadCallEdges {
         agent.keep(0x280, -1);
         agent.keep(0x1fc, -1);
         edges.is("ATTEST", 0, agent.ask(34, BASE + 0x301, DATA));
-        edges.is("the REPORT", Bench.hex(report(agent, new byte[32], agent.bytes(0x301, 32))), Bench.hex(agent.bytes(0x200, 128)));
-        edges.is("those beside it", "-1 -1", agent.bench.house.inner(BASE + 0x1fc) + " " + agent.bench.house.inner(BASE + 0x280));
+        edges.is("the REPORT", Bench.hex(report(agent, new byte[32], agent.bytes(0x301, 32))),
+            Bench.hex(agent.bytes(0x200, 128)));
+        edges.are("those beside it", "-1 -1", agent.bench.house.inner(BASE + 0x1fc),
+            agent.bench.house.inner(BASE + 0x280));
     }
 
     private void key() {
@@ -227,7 +251,8 @@ final class ThreadCallEdges {
             Agent agent = new Agent(new Bench(SEED), BASE);
             agent.keep(0x220, -1);
             edges.is("KEY", 0, agent.ask(35, label, DATA));
-            byte[] due = Bench.mac(Bench.root(SEED, 0), Bench.numbers(6), measurement(agent.bench, 0), Bench.numbers(label));
+            byte[] due = Bench.mac(Bench.root(SEED, 0), Bench.numbers(6), measurement(agent.bench, 0),
+                Bench.numbers(label));
             edges.is("label " + label, Bench.hex(due), Bench.hex(agent.bytes(0x200, 32)));
             edges.is("no more than that", -1, agent.bench.house.inner(DATA + 32));
         }
@@ -237,7 +262,8 @@ final class ThreadCallEdges {
         edges.terms(6, 14, "36 RANDOM: q (1 .. 32) bytes are written at p. 0.");
         for (int n : new int[] {1, 2, 3, 31, 32}) {
             Agent agent = new Agent(new Bench(SEED), BASE);
-            byte[] due = Bench.mac(Bench.root(SEED, 0), Bench.numbers(7), measurement(agent.bench, 0), Bench.numbers(1, 0));
+            byte[] due = Bench.mac(Bench.root(SEED, 0), Bench.numbers(7), measurement(agent.bench, 0),
+                Bench.numbers(1, 0));
             edges.is(n + " bytes", 0, agent.ask(36, DATA, n));
             byte[] got = agent.bytes(0x200, 33);
             for (int i = 0; i < 33; i++) {
@@ -246,7 +272,7 @@ final class ThreadCallEdges {
         }
         Agent agent = new Agent(new Bench(SEED), BASE);
         for (int n : new int[] {0, 33, -1, 256 + 1, MIN, MAX}) {
-            edges.is(n + " bytes", "-1 0", agent.ask(36, DATA, n) + " " + agent.bench.house.enclave(0, 7));
+            edges.are(n + " bytes", "-1 0", agent.ask(36, DATA, n), agent.bench.house.enclave(0, 7));
         }
     }
 
@@ -299,13 +325,15 @@ final class ThreadCallEdges {
         for (int region : new int[] {-1, 0, 2, 3, 4, 5, 6, 7, 8, 11, 12, MIN, MAX}) {
             edges.is("REGION " + region, -1, agent.ask(38, region));
         }
-        edges.is("they are of the other one", "0 0 0", other.ask(38, 5) + " " + other.ask(38, 6) + " " + other.ask(38, 7));
+        edges.are("they are of the other one", "0 0 0", other.ask(38, 5), other.ask(38, 6), other.ask(38, 7));
         bench.call(8, 2);
-        edges.is("one of the same number, of another SORT", "4 0", bench.call(9, 0, 0xa000, 256) + " " + agent.ask(38, 4));
-        int[] mine = {bench.call(9, 0, 0xc000, 256), bench.call(10, 0, 1, 0xc100, 256), bench.call(10, 1, 0, 0xc200, 256), bench.call(20, 0, 0xc300, 256)};
+        edges.are("one of the same number, of another SORT", "4 0", bench.call(9, 0, 0xa000, 256), agent.ask(38, 4));
+        int[] mine = {bench.call(9, 0, 0xc000, 256), bench.call(10, 0, 1, 0xc100, 256),
+            bench.call(10, 1, 0, 0xc200, 256), bench.call(20, 0, 0xc300, 256)};
         int[] sides = {1, 1, 2, 1};
         for (int i = 0; i < 4; i++) {
-            edges.is("SORT " + bench.house.region(mine[i], 0), "0 " + sides[i], agent.ask(38, mine[i]) + " " + bench.house.region(mine[i], 5));
+            edges.are("SORT " + bench.house.region(mine[i], 0), "0 " + sides[i], agent.ask(38, mine[i]),
+                bench.house.region(mine[i], 5));
         }
     }
 
@@ -315,11 +343,11 @@ final class ThreadCallEdges {
         Agent agent = new Agent(bench, BASE);
         Agent other = new Agent(bench, 0x9000);
         int link = bench.call(10, 0, 1, 0xc000, 256);
-        edges.is("by the first", "0 -2 1", agent.ask(38, link) + " " + agent.ask(38, link) + " " + bench.house.region(link, 5));
-        edges.is("by the other one", "0 -2 3", other.ask(38, link) + " " + other.ask(38, link) + " " + bench.house.region(link, 5));
+        edges.are("by the first", "0 -2 1", agent.ask(38, link), agent.ask(38, link), bench.house.region(link, 5));
+        edges.are("by the other one", "0 -2 3", other.ask(38, link), other.ask(38, link), bench.house.region(link, 5));
         bench.call(11, link);
         bench.call(10, 1, 0, 0xc000, 256);
-        edges.is("one of the same number", "0 2", agent.ask(38, link) + " " + bench.house.region(link, 5));
+        edges.are("one of the same number", "0 2", agent.ask(38, link), bench.house.region(link, 5));
     }
 
     private void self() {
@@ -342,7 +370,7 @@ final class ThreadCallEdges {
             edges.is("enclave " + enclave, -1, agent.ask(40, enclave, DATA));
         }
         agent.keep(0x203, -2, 1, 2, 3, 4, 5, 6, MIN);
-        edges.is("SEND", "0 1", agent.ask(40, 0, DATA + 3) + " " + bench.house.enclave(0, 6));
+        edges.are("SEND", "0 1", agent.ask(40, 0, DATA + 3), bench.house.enclave(0, 6));
         edges.is("RECEIVE", 1, other.ask(41, 0x9201));
         edges.is("the 32 bytes", Bench.hex(agent.bytes(0x203, 32)), Bench.hex(other.bytes(0x201, 32)));
         edges.is("who sent it", Bench.hex(measurement(bench, 1)), Bench.hex(other.bytes(0x221, 32)));
@@ -355,23 +383,24 @@ final class ThreadCallEdges {
         bench.call(1, 0x9000, 256);
         edges.is("LOADING", -2, agent.ask(40, 1, DATA));
         bench.call(4, 1, 0);
-        edges.is("READY, then its BOX has one", "0 -5", agent.ask(40, 1, DATA) + " " + agent.ask(40, 1, DATA));
+        edges.are("READY, then its BOX has one", "0 -5", agent.ask(40, 1, DATA), agent.ask(40, 1, DATA));
         bench.call(7, 1);
         edges.is("STOPPED: STATE ahead of FULL", -2, agent.ask(40, 1, DATA));
         edges.is("BAD ahead of STATE", -1, agent.ask(40, 1, BASE + 1024 - 31));
     }
 
     private void receive() {
-        edges.terms(6, 14, "41 RECEIVE at p, 64 bytes: what is in the BOX, and the MEASUREMENT of who sent it (as it was then): 1; "
-            + "the BOX is empty then;");
+        edges.terms(6, 14, "41 RECEIVE at p, 64 bytes: what is in the BOX, and the MEASUREMENT of who sent it (as it "
+            + "was then): 1; the BOX is empty then;");
         Agent agent = withMail();
         Bench bench = agent.bench;
         byte[] sender = measurement(bench, 0);
         bench.call(7, 0);
         bench.call(8, 0);
         new Agent(bench, 0x9000, 4, 1);
-        edges.is("RECEIVE", "1 0", agent.ask(41, DATA) + " " + bench.house.enclave(1, 6));
-        edges.is("the mail", Bench.hex(Bench.numbers(0x11, 0x22, 0x33, 0x44, 0x55, 0x66, 0x77, 0x88)), Bench.hex(agent.bytes(0x200, 32)));
+        edges.are("RECEIVE", "1 0", agent.ask(41, DATA), bench.house.enclave(1, 6));
+        edges.is("the mail", Bench.hex(Bench.numbers(0x11, 0x22, 0x33, 0x44, 0x55, 0x66, 0x77, 0x88)),
+            Bench.hex(agent.bytes(0x200, 32)));
         edges.is("who sent it, though there is another one now", Bench.hex(sender), Bench.hex(agent.bytes(0x220, 32)));
         edges.is("no more than that", 0, bench.house.inner(DATA + 64));
     }
@@ -382,7 +411,8 @@ final class ThreadCallEdges {
         agent.ask(41, DATA);
         agent.keep(0x300, 1, 2, 3);
         edges.is("empty", 0, agent.ask(41, BASE + 0x300));
-        edges.is("nothing is written", "1 2", agent.bench.house.inner(BASE + 0x300) + " " + agent.bench.house.inner(BASE + 0x304));
+        edges.are("nothing is written", "1 2", agent.bench.house.inner(BASE + 0x300),
+            agent.bench.house.inner(BASE + 0x304));
     }
 
     private void receiveReach() {
@@ -390,7 +420,8 @@ final class ThreadCallEdges {
         for (int mail = 0; mail < 2; mail++) {
             for (int place : new int[] {BASE + 1024 - 64, BASE + 1024 - 63, BASE + 1024 - 32, BASE - 1, 0}) {
                 Agent agent = mail == 1 ? withMail() : new Agent(new Bench(SEED), BASE);
-                edges.is("with " + mail + " mails at " + place, place == BASE + 1024 - 64 ? mail : -1, agent.ask(41, place));
+                edges.is("with " + mail + " mails at " + place, place == BASE + 1024 - 64 ? mail : -1,
+                    agent.ask(41, place));
             }
         }
     }
@@ -402,25 +433,27 @@ final class ThreadCallEdges {
         Agent same = new Agent(bench, 0x9000, 1, 0);
         Agent other = new Agent(bench, 0xa000, 1, 1);
         edges.is("none has one", 0, bench.house.count(16));
-        edges.is("two of one MEASUREMENT, one of another", "1 2 1 3 2", agent.ask(42) + " " + same.ask(42) + " " + other.ask(42) + " " + agent.ask(42)
-            + " " + other.ask(42));
+        edges.are("two of one MEASUREMENT, one of another", "1 2 1 3 2", agent.ask(42), same.ask(42), other.ask(42),
+            agent.ask(42), other.ask(42));
         edges.is("MEASUREMENTS with one", 2, bench.house.count(16));
         bench.call(7, 0);
         bench.call(8, 0);
         edges.is("it outlives the enclave", 4, new Agent(bench, 0xc000, 1, 0).ask(42));
         bench.house.boot(7);
-        edges.is("and boot()", "5 2", new Agent(bench, BASE, 1, 0).ask(42) + " " + bench.house.count(16));
+        edges.are("and boot()", "5 2", new Agent(bench, BASE, 1, 0).ask(42), bench.house.count(16));
     }
 
     private void countFull() {
         edges.terms(6, 14, "FULL: 8 MEASUREMENTS have one, and this has none (it is 0 then).");
         Agent agent = ninth();
         Bench bench = agent.bench;
-        edges.is("the ninth", "-5 8", agent.ask(42) + " " + bench.house.count(16));
+        edges.are("the ninth", "-5 8", agent.ask(42), bench.house.count(16));
         edges.is("again", -5, agent.ask(42));
-        edges.is("the first and the eighth", "2 2", new Agent(bench, 0x9000, 1, 0).ask(42) + " " + new Agent(bench, 0xa000, 8, 0).ask(42));
+        edges.are("the first and the eighth", "2 2", new Agent(bench, 0x9000, 1, 0).ask(42),
+            new Agent(bench, 0xa000, 8, 0).ask(42));
         bench.house.boot(0);
-        edges.is("behind boot()", "-5 3", new Agent(bench, BASE, 9, 0).ask(42) + " " + new Agent(bench, 0x9000, 8, 0).ask(42));
+        edges.are("behind boot()", "-5 3", new Agent(bench, BASE, 9, 0).ask(42), new Agent(bench, 0x9000, 8, 0)
+            .ask(42));
         edges.is("on a new machine", 1, new Agent(new Bench(SEED), BASE, 9, 0).ask(42));
     }
 
@@ -439,14 +472,14 @@ final class ThreadCallEdges {
             int thread = bench.enclave(BASE, 256, 0, new Code().call(43, BASE + 80, 0).call(43, handler, 0).word(0));
             bench.call(5, thread, 0, 0);
             bench.house.run(15);
-            edges.is("then " + handler, handler == 0 ? "5 32824" : handler == BASE + 64 ? "2 32832" : "2 32848", bench.house.thread(thread, 0) + " "
-                + bench.house.inside(thread, 32));
+            edges.are("then " + handler, handler == 0 ? "5 32824" : handler == BASE + 64 ? "2 32832" : "2 32848",
+                bench.house.thread(thread, 0), bench.house.inside(thread, 32));
         }
         Bench bench = new Bench(SEED);
         int thread = bench.enclave(BASE, 256, 0, new Code().call(43, 0x400, 0).word(0));
         bench.enter(thread, 0, 0);
-        edges.is("outside of all that is LET THROUGH: it goes there, and that is a FAULT", "3 1 1024", bench.house.register(0, 10) + " "
-            + bench.house.register(0, 11) + " " + bench.house.inside(thread, 32));
+        edges.are("outside of all that is LET THROUGH: it goes there, and that is a FAULT", "3 1 1024",
+            bench.house.register(0, 10), bench.house.register(0, 11), bench.house.inside(thread, 32));
     }
 
     /** An exception at BASE + 44 with x10 48 and x11 52, and a handler that does RETURN with p, and then with 8. */
@@ -467,8 +500,8 @@ final class ThreadCallEdges {
     }
 
     private void returns() {
-        edges.terms(6, 14, "44 RETURN: x10, x11 and the HANDLER are as HELD, and it goes on p behind the PC that is HELD; nothing is HELD then. "
-            + "(No answer.)");
+        edges.terms(6, 14, "44 RETURN: x10, x11 and the HANDLER are as HELD, and it goes on p behind the PC that is "
+            + "HELD; nothing is HELD then. (No answer.)");
         for (int p : new int[] {0, 4, 8, -4, -44, MIN, MAX - 3, -BASE - 48}) {
             Bench bench = returning(p);
             edges.is("RETURN " + p, "48 52 " + (BASE + 44 + p), state(bench));
@@ -509,13 +542,13 @@ final class ThreadCallEdges {
         Agent other = new Agent(bench, 0x9000);
         Agent agent = new Agent(bench, BASE);
         edges.is("nobody has it", -1, bench.house.count(20));
-        edges.is("CLAIM", "0 1", agent.ask(45) + " " + bench.house.count(20));
-        edges.is("it has it", "-2 1", agent.ask(45) + " " + bench.house.count(20));
-        edges.is("another one has", "-3 1", other.ask(45) + " " + bench.house.count(20));
+        edges.are("CLAIM", "0 1", agent.ask(45), bench.house.count(20));
+        edges.are("it has it", "-2 1", agent.ask(45), bench.house.count(20));
+        edges.are("another one has", "-3 1", other.ask(45), bench.house.count(20));
         agent.ask(46);
-        edges.is("nobody has it again", "0 0", other.ask(45) + " " + bench.house.count(20));
+        edges.are("nobody has it again", "0 0", other.ask(45), bench.house.count(20));
         bench.call(7, 0);
-        edges.is("a STOPPED one has it still", "-3 0", agent.ask(45) + " " + bench.house.count(20));
+        edges.are("a STOPPED one has it still", "-3 0", agent.ask(45), bench.house.count(20));
         bench.call(8, 0);
         edges.is("a DESTROYED one has not", 0, agent.ask(45));
     }
@@ -527,26 +560,29 @@ final class ThreadCallEdges {
         Agent agent = new Agent(bench, BASE);
         edges.is("nobody has it", -2, agent.ask(46));
         other.ask(45);
-        edges.is("another one has", "-2 0", agent.ask(46) + " " + bench.house.count(20));
-        edges.is("it has it", "0 -1", other.ask(46) + " " + bench.house.count(20));
+        edges.are("another one has", "-2 0", agent.ask(46), bench.house.count(20));
+        edges.are("it has it", "0 -1", other.ask(46), bench.house.count(20));
         edges.is("again", -2, other.ask(46));
     }
 
     private void show() {
-        edges.terms(6, 14, "47 SHOW: the lowest byte of p comes onto the PANEL. STATE as before. FULL: 64 are there. How many are.");
+        edges.terms(6, 14, "47 SHOW: the lowest byte of p comes onto the PANEL. STATE as before. FULL: 64 are there. "
+            + "How many are.");
         Bench bench = new Bench(SEED);
         Agent agent = new Agent(bench, BASE);
-        edges.is("it has the PATH not", "-2 0", agent.ask(47, 1) + " " + bench.house.count(22));
+        edges.are("it has the PATH not", "-2 0", agent.ask(47, 1), bench.house.count(22));
         agent.ask(45);
         for (int i = 0; i < 64; i++) {
             edges.is("byte " + i, i + 1, agent.ask(47, 0x1ff00 - i));
         }
-        edges.is("the first ones and the last one", "0 255 193", bench.house.panel(0) + " " + bench.house.panel(1) + " " + bench.house.panel(63));
-        edges.is("FULL", "-5 64 193 -1", agent.ask(47, 7) + " " + bench.house.count(22) + " " + bench.house.panel(63) + " " + bench.house.panel(64));
+        edges.are("the first ones and the last one", "0 255 193", bench.house.panel(0), bench.house.panel(1),
+            bench.house.panel(63));
+        edges.are("FULL", "-5 64 193 -1", agent.ask(47, 7), bench.house.count(22), bench.house.panel(63),
+            bench.house.panel(64));
         agent.ask(46);
         edges.is("STATE ahead of all", -2, agent.ask(47, 7));
         agent.ask(45);
-        edges.is("room again", "1 7", agent.ask(47, 7) + " " + bench.house.panel(0));
+        edges.are("room again", "1 7", agent.ask(47, 7), bench.house.panel(0));
     }
 
     private void typed() {
@@ -560,7 +596,7 @@ final class ThreadCallEdges {
         for (int key : new int[] {255, 0, 7}) {
             bench.house.type(key);
         }
-        edges.is("in order", "255 0 7 256", agent.ask(48) + " " + agent.ask(48) + " " + agent.ask(48) + " " + agent.ask(48));
+        edges.are("in order", "255 0 7 256", agent.ask(48), agent.ask(48), agent.ask(48), agent.ask(48));
         edges.is("what waits for the system", 1, bench.house.count(19));
         bench.house.type(1);
         agent.ask(46);
@@ -568,7 +604,7 @@ final class ThreadCallEdges {
         Agent other = new Agent(bench, 0x9000);
         other.ask(45);
         bench.house.type(1);
-        edges.is("another one has it", "-2 1", agent.ask(48) + " " + bench.house.count(21));
+        edges.are("another one has it", "-2 1", agent.ask(48), bench.house.count(21));
     }
 
     private void extend() {

@@ -51,25 +51,36 @@ final class ThreadEdges {
         return bench;
     }
 
+    /** Three THREADS each of the first four of six enclaves. */
+    static Bench twelveThreads() {
+        Bench bench = sixEnclaves();
+        for (int i = 0; i < 12; i++) {
+            bench.call(3, i / 3, 0, 0);
+        }
+        return bench;
+    }
+
     private void enclaves() {
-        edges.terms(5, 18, "5 ENCLAVES are 0 .. 5, each that there is with a state: 1 LOADING, 2 READY, 3 STOPPED; its PRIVATE REGION;");
+        edges.terms(5, 18, "5 ENCLAVES are 0 .. 5, each that there is with a state: 1 LOADING, 2 READY, 3 STOPPED; "
+            + "its PRIVATE REGION;");
         Bench bench = sixEnclaves();
         bench.call(4, 5, 0);
         bench.call(4, 4, 0);
         bench.call(7, 4);
         for (int i = 0; i < 6; i++) {
-            edges.is("enclave " + i, (i == 5 ? 2 : i == 4 ? 3 : 1) + " " + (0x8000 + 256 * i) + " 256",
-                bench.house.enclave(i, 0) + " " + bench.house.enclave(i, 1) + " " + bench.house.enclave(i, 2));
-            edges.is("its REGION", "1 " + i, bench.house.region(i, 0) + " " + bench.house.region(i, 3));
+            edges.are("enclave " + i, (i == 5 ? 2 : i == 4 ? 3 : 1) + " " + (0x8000 + 256 * i) + " 256",
+                bench.house.enclave(i, 0), bench.house.enclave(i, 1), bench.house.enclave(i, 2));
+            edges.are("its REGION", "1 " + i, bench.house.region(i, 0), bench.house.region(i, 3));
         }
         for (int i : new int[] {-1, 6, MIN, MAX}) {
-            edges.is("enclave " + i, "-1 -1 -1 -1 -1", bench.house.enclave(i, 0) + " " + bench.house.enclave(i, 5) + " "
-                + bench.call(7, i) + " " + bench.call(8, i) + " " + bench.call(16, i, 0));
+            edges.are("enclave " + i, "-1 -1 -1 -1 -1", bench.house.enclave(i, 0), bench.house.enclave(i, 5),
+                bench.call(7, i), bench.call(8, i), bench.call(16, i, 0));
         }
     }
 
     private void whatEnclavesHave() {
-        edges.terms(5, 18, "FLAGS (0, 1: DEBUG); a MEASUREMENT (7); a RECORD (32 bytes, 0 when it becomes READY); a BOX for one mail; ");
+        edges.terms(5, 18, "FLAGS (0, 1: DEBUG); a MEASUREMENT (7); a RECORD (32 bytes, 0 when it becomes READY); a "
+            + "BOX for one mail; ");
         for (int flags = 0; flags < 2; flags++) {
             Bench bench = new Bench(1);
             Agent agent = new Agent(bench, 0x8000, 0, flags);
@@ -91,16 +102,16 @@ final class ThreadEdges {
         Agent first = new Agent(bench, 0x8000);
         Agent second = new Agent(bench, 0x9000);
         edges.is("the BOX is empty", 0, bench.house.enclave(1, 6));
-        edges.is("one mail", "0 1", first.ask(40, 1, 0x8300) + " " + bench.house.enclave(1, 6));
+        edges.are("one mail", "0 1", first.ask(40, 1, 0x8300), bench.house.enclave(1, 6));
         edges.is("and no second one", -5, first.ask(40, 1, 0x8300));
-        edges.is("it is taken", "1 0", second.ask(41, 0x9300) + " " + bench.house.enclave(1, 6));
+        edges.are("it is taken", "1 0", second.ask(41, 0x9300), bench.house.enclave(1, 6));
         edges.is("the next one", 0, first.ask(40, 1, 0x8300));
     }
 
     private void generations() {
         edges.terms(5, 18, "a GENERATION, which is one more with each enclave of that number (0 before the first).");
         Bench bench = new Bench(1);
-        edges.is("before the first", "0 0", bench.house.enclave(0, 5) + " " + bench.house.enclave(5, 5));
+        edges.are("before the first", "0 0", bench.house.enclave(0, 5), bench.house.enclave(5, 5));
         bench.call(1, 0x9000, 256);
         for (int i = 1; i < 5; i++) {
             bench.call(1, 0x8000, 256);
@@ -112,41 +123,42 @@ final class ThreadEdges {
         bench.call(1, 0x9000, 256);
         edges.is("a refused one does not count", 4, bench.house.enclave(1, 5));
         bench.house.boot(0);
-        edges.is("behind boot", "0 0", bench.house.enclave(0, 5) + " " + bench.house.enclave(1, 5));
+        edges.are("behind boot", "0 0", bench.house.enclave(0, 5), bench.house.enclave(1, 5));
     }
 
     private void threads() {
-        edges.terms(5, 19, "THREADS are 0 .. 11, at most 3 of one enclave, each with an entry and a stack (offsets in the REGION) and a "
-            + "state: 1 IDLE, 2 RUNNING (on a hart), 3 INTERRUPTED, 4 YIELDED, 5 DEAD.");
+        edges.terms(5, 19, "THREADS are 0 .. 11, at most 3 of one enclave, each with an entry and a stack (offsets "
+            + "in the REGION) and a state: 1 IDLE, 2 RUNNING (on a hart), 3 INTERRUPTED, 4 YIELDED, 5 DEAD.");
         Bench bench = sixEnclaves();
         for (int i = 0; i < 12; i++) {
             edges.is("THREAD " + i, i, bench.call(3, i / 3, 4 * i, 16 * i));
         }
         for (int i = 0; i < 12; i++) {
-            edges.is("what THREAD " + i + " has", "1 " + i / 3 + " -1 " + 4 * i + " " + 16 * i, bench.house.thread(i, 0) + " "
-                + bench.house.thread(i, 1) + " " + bench.house.thread(i, 2) + " " + bench.house.thread(i, 3) + " " + bench.house.thread(i, 4));
+            edges.are("what THREAD " + i + " has", "1 " + i / 3 + " -1 " + 4 * i + " " + 16 * i,
+                bench.house.thread(i, 0), bench.house.thread(i, 1), bench.house.thread(i, 2), bench.house.thread(i, 3),
+                bench.house.thread(i, 4));
         }
         edges.is("a fourth of one enclave", -5, bench.call(3, 0, 0, 0));
         edges.is("a thirteenth", -5, bench.call(3, 5, 0, 0));
         for (int i : new int[] {-1, 12, MIN, MAX}) {
-            edges.is("THREAD " + i, "-1 -1 -1", bench.house.thread(i, 0) + " " + bench.call(5, i) + " " + bench.call(6, i));
+            edges.are("THREAD " + i, "-1 -1 -1", bench.house.thread(i, 0), bench.call(5, i), bench.call(6, i));
         }
         bench = new Bench(1);
         int thread = bench.enclave(0x8000, 256, 0, new Code().call(33, 0, 0).word(Code.NOTHING).word(0));
-        edges.is("IDLE", "1 -1", bench.house.thread(thread, 0) + " " + bench.house.thread(thread, 2));
+        edges.are("IDLE", "1 -1", bench.house.thread(thread, 0), bench.house.thread(thread, 2));
         bench.house.call(1, 5, thread, 0, 0, 0);
-        edges.is("RUNNING on hart 1", "2 1", bench.house.thread(thread, 0) + " " + bench.house.thread(thread, 2));
+        edges.are("RUNNING on hart 1", "2 1", bench.house.thread(thread, 0), bench.house.thread(thread, 2));
         bench.house.run(7);
-        edges.is("YIELDED", "4 -1", bench.house.thread(thread, 0) + " " + bench.house.thread(thread, 2));
+        edges.are("YIELDED", "4 -1", bench.house.thread(thread, 0), bench.house.thread(thread, 2));
         bench.call(6, thread, 0);
         bench.house.setControl(0, 0x104, 2);
         bench.house.setControl(0, 0x144, 2);
         bench.house.run(1);
-        edges.is("INTERRUPTED", "3 -1", bench.house.thread(thread, 0) + " " + bench.house.thread(thread, 2));
+        edges.are("INTERRUPTED", "3 -1", bench.house.thread(thread, 0), bench.house.thread(thread, 2));
         bench.house.setControl(0, 0x144, 0);
         bench.call(6, thread, 0);
         bench.house.run(2);
-        edges.is("DEAD", "5 -1", bench.house.thread(thread, 0) + " " + bench.house.thread(thread, 2));
+        edges.are("DEAD", "5 -1", bench.house.thread(thread, 0), bench.house.thread(thread, 2));
     }
 
     private void entered() {
@@ -190,34 +202,36 @@ final class ThreadEdges {
             bench.house.run(1);
             edges.is("it WAITS", 1, bench.house.count(10));
             edges.is("CALL " + f + ": the THREAD", thread, bench.call(f, thread));
-            edges.is("CALL " + f + ": it WAITS no more, and RUNS", "0 2 0", bench.house.count(10) + " " + bench.house.thread(thread, 0)
-                + " " + bench.house.count(8));
+            edges.are("CALL " + f + ": it WAITS no more, and RUNS", "0 2 0", bench.house.count(10),
+                bench.house.thread(thread, 0), bench.house.count(8));
         }
     }
 
     private void staysAlone() {
-        edges.terms(5, 14, "When it ceases to run, its registers (x10 as it was, also behind EXIT and YIELD) and PC (behind the CALL) stay "
-            + "with it alone; the system goes on in its MODE, at its PC, with its registers as they were, but x10 and x11: ");
+        edges.terms(5, 14, "When it ceases to run, its registers (x10 as it was, also behind EXIT and YIELD) and PC "
+            + "(behind the CALL) stay with it alone; the system goes on in its MODE, at its PC, with its registers "
+            + "as they were, but x10 and x11: ");
         for (int f = 32; f < 34; f++) {
             for (int mode = 0; mode < 2; mode++) {
                 Bench bench = new Bench(1);
-                Code code = new Code().set(8, 81).set(13, 82).set(31, 83).set(10, -5).set(11, 84).set(17, f).word(Code.CALL);
+                Code code = new Code().set(8, 81).set(13, 82).set(31, 83).set(10, -5).set(11, 84).set(17, f)
+                    .word(Code.CALL);
                 int thread = bench.enclave(0x8000, 256, 0, code);
                 for (int n = 1; n < 32; n++) {
                     bench.house.setRegister(0, n, 1000 + n);
                 }
                 bench.house.place(0, 0x600, mode);
                 bench.enter(thread, 0, 0);
-                edges.is("its registers", "81 82 83 -5 84 " + f, bench.house.inside(thread, 8) + " " + bench.house.inside(thread, 13) + " "
-                    + bench.house.inside(thread, 31) + " " + bench.house.inside(thread, 10) + " " + bench.house.inside(thread, 11) + " "
-                    + bench.house.inside(thread, 17));
+                edges.are("its registers", "81 82 83 -5 84 " + f, bench.house.inside(thread, 8),
+                    bench.house.inside(thread, 13), bench.house.inside(thread, 31), bench.house.inside(thread, 10),
+                    bench.house.inside(thread, 11), bench.house.inside(thread, 17));
                 edges.is("its PC", 0x8000 + code.size(), bench.house.inside(thread, 32));
                 for (int n = 1; n < 32; n++) {
                     int due = n == 10 ? f - 32 : n == 11 ? -5 : n == 12 ? thread : 1000 + n;
                     edges.is("the system's x" + n, due, bench.house.register(0, n));
                     edges.is("the other hart's x" + n, 0, bench.house.register(1, n));
                 }
-                edges.is("its MODE and PC", mode + " 1536", bench.house.count(12) + " " + bench.house.count(14));
+                edges.are("its MODE and PC", mode + " 1536", bench.house.count(12), bench.house.count(14));
             }
         }
     }
@@ -228,7 +242,8 @@ final class ThreadEdges {
             Bench bench = new Bench(1);
             int thread = bench.enclave(0x8000, 256, 0, new Code().exit(value));
             bench.enter(thread, 0, 0);
-            edges.is("EXIT " + value, "0 " + value + " 0, 1", told(bench.house, 0) + ", " + bench.house.thread(thread, 0));
+            edges.is("EXIT " + value, "0 " + value + " 0, 1", told(bench.house, 0) + ", "
+                + bench.house.thread(thread, 0));
             edges.is("ENTERED again", thread, bench.call(5, thread));
         }
     }
@@ -240,7 +255,8 @@ final class ThreadEdges {
             int thread = bench.enclave(0x8000, 256, 0, new Code().call(33, value, 0).exit(0));
             bench.house.call(1, 5, thread, 0, 0, 0);
             bench.house.run(7);
-            edges.is("YIELD " + value, "1 " + value + " 0, 4", told(bench.house, 1) + ", " + bench.house.thread(thread, 0));
+            edges.is("YIELD " + value, "1 " + value + " 0, 4", told(bench.house, 1) + ", "
+                + bench.house.thread(thread, 0));
             edges.is("it is not IDLE", -2, bench.call(5, thread));
         }
     }
@@ -258,16 +274,18 @@ final class ThreadEdges {
             bench.house.setControl(0, 0x104, 2);
             bench.house.setControl(0, 0x144, slice == 0 ? 2 : 0);
             bench.house.run(1);
-            edges.is("told", (slice == 0 ? "2 0 1" : "4 0 1") + ", 3", told(bench.house, 0) + ", " + bench.house.thread(thread, 0));
-            edges.is("what stays with it", "9 8 32776", bench.house.inside(thread, 10) + " " + bench.house.inside(thread, 11) + " "
-                + bench.house.inside(thread, 32));
+            edges.is("told", (slice == 0 ? "2 0 1" : "4 0 1") + ", 3", told(bench.house, 0) + ", "
+                + bench.house.thread(thread, 0));
+            edges.are("what stays with it", "9 8 32776", bench.house.inside(thread, 10),
+                bench.house.inside(thread, 11), bench.house.inside(thread, 32));
             edges.is("no EVENT", 0, bench.house.count(5));
         }
     }
 
     private void faults() {
         edges.terms(5, 14, "A FAULT: 3 and the exception's number, DEAD. x12 is the THREAD then.");
-        int[][] given = {{Code.jumping(7, 2), 0}, {Code.byNumber(103, 7, 0, 0, 0), -1}, {0, 2}, {Code.BREAK, 3}, {Code.byNumber(3, 7, 2, 0, 1), 4},
+        int[][] given = {{Code.jumping(7, 2), 0}, {Code.byNumber(103, 7, 0, 0, 0), -1}, {0, 2}, {Code.BREAK, 3},
+            {Code.byNumber(3, 7, 2, 0, 1), 4},
             {Code.byNumber(3, 7, 2, 0, 0), 5}, {Code.storing(2, 0, 0, 1), 6}, {Code.storing(2, 0, 0, 0), 7}};
         for (int[] one : given) {
             Bench bench = new Bench(1);
@@ -277,28 +295,30 @@ final class ThreadEdges {
             int due = one[1] < 0 ? 1 : one[1];
             edges.is("told", "3 " + due + " 1, 5", told(bench.house, 0) + ", " + bench.house.thread(thread, 0));
             edges.is("its PC", one[1] < 0 ? 0 : 0x8000, bench.house.inside(thread, 32));
-            edges.is("neither ENTERED nor RESUMED", "-2 -2", bench.call(5, thread) + " " + bench.call(6, thread));
-            edges.is("no TRAP", "0 0", bench.house.control(0, 0x142) + " " + bench.house.count(14));
+            edges.are("neither ENTERED nor RESUMED", "-2 -2", bench.call(5, thread), bench.call(6, thread));
+            edges.are("no TRAP", "0 0", bench.house.control(0, 0x142), bench.house.count(14));
         }
     }
 
     private void resumed() {
-        edges.terms(5, 14, "RESUMED it RUNS again as it was (the hart WAITS no more); if it YIELDED, x10 is what is given.");
+        edges.terms(5, 14, "RESUMED it RUNS again as it was (the hart WAITS no more); if it YIELDED, x10 is what is "
+            + "given.");
         for (int given : new int[] {0, -1, MIN, MAX}) {
             Bench bench = new Bench(1);
-            int thread = bench.enclave(0x8000, 256, 0, new Code().set(8, 4).call(33, 5, 6).word(Code.byNumber(19, 8, 0, 8, 1)).word(ENDLESS));
+            int thread = bench.enclave(0x8000, 256, 0, new Code().set(8, 4).call(33, 5, 6)
+                .word(Code.byNumber(19, 8, 0, 8, 1)).word(ENDLESS));
             bench.enter(thread, 0, 0);
             bench.house.call(1, 6, thread, given, 3, 3);
-            edges.is("it YIELDED", given + " 6 4 32804", bench.house.inside(thread, 10) + " " + bench.house.inside(thread, 11) + " "
-                + bench.house.inside(thread, 8) + " " + bench.house.inside(thread, 32));
+            edges.are("it YIELDED", given + " 6 4 32804", bench.house.inside(thread, 10),
+                bench.house.inside(thread, 11), bench.house.inside(thread, 8), bench.house.inside(thread, 32));
             bench.house.run(2);
-            edges.is("it went on", "5 32808", bench.house.inside(thread, 8) + " " + bench.house.inside(thread, 32));
+            edges.are("it went on", "5 32808", bench.house.inside(thread, 8), bench.house.inside(thread, 32));
             bench.house.setControl(1, 0x104, 2);
             bench.house.setControl(1, 0x144, 2);
             bench.house.run(1);
             bench.call(6, thread, 1234);
-            edges.is("it was INTERRUPTED", given + " 6 5 32808", bench.house.inside(thread, 10) + " " + bench.house.inside(thread, 11) + " "
-                + bench.house.inside(thread, 8) + " " + bench.house.inside(thread, 32));
+            edges.are("it was INTERRUPTED", given + " 6 5 32808", bench.house.inside(thread, 10),
+                bench.house.inside(thread, 11), bench.house.inside(thread, 8), bench.house.inside(thread, 32));
         }
     }
 
@@ -333,13 +353,15 @@ final class ThreadEdges {
     }
 
     private void handled() {
-        edges.terms(5, 14, "its x10, x11, PC and HANDLER are HELD (instead of what was), x10 is the exception's number, x11 that PC; "
-            + "it goes on at the HANDLER, and has none then.");
-        int[][] given = {{Code.jumping(7, 2), 0}, {0, 2}, {Code.BREAK, 3}, {Code.byNumber(3, 7, 2, 0, 1), 4}, {Code.byNumber(3, 7, 2, 0, 0), 5},
+        edges.terms(5, 14, "its x10, x11, PC and HANDLER are HELD (instead of what was), x10 is the exception's "
+            + "number, x11 that PC; it goes on at the HANDLER, and has none then.");
+        int[][] given = {{Code.jumping(7, 2), 0}, {0, 2}, {Code.BREAK, 3}, {Code.byNumber(3, 7, 2, 0, 1), 4},
+            {Code.byNumber(3, 7, 2, 0, 0), 5},
             {Code.storing(2, 0, 0, 1), 6}, {Code.storing(2, 0, 0, 0), 7}};
         for (int[] one : given) {
             Bench bench = handling(one[0], new Code().word(ENDLESS));
-            edges.is("exception " + one[1], one[1] + " 32812 32896, 2", inside(bench, 10, 11, 32) + ", " + bench.house.thread(0, 0));
+            edges.is("exception " + one[1], one[1] + " 32812 32896, 2",
+                inside(bench, 10, 11, 32) + ", " + bench.house.thread(0, 0));
             edges.is("no EVENT", 0, bench.house.count(5));
         }
         Bench bench = handling(0, new Code().word(0));
@@ -372,7 +394,8 @@ final class ThreadEdges {
     }
 
     private void enteredWithoutHandler() {
-        edges.terms(5, 14, "HANDLED is an exception of a THREAD that has a HANDLER (none, and nothing HELD, when it is ENTERED): ");
+        edges.terms(5, 14, "HANDLED is an exception of a THREAD that has a HANDLER (none, and nothing HELD, when it "
+            + "is ENTERED): ");
         Bench bench = new Bench(1);
         // With x10 0: HANDLE, an exception, EXIT by the handler; with x10 1: RETURN, then an exception.
         Code code = new Code().word(Code.branching(1, 10, 0, 64)).call(43, 0x8000 + 36, 0).word(0).exit(1);
@@ -391,12 +414,13 @@ final class ThreadEdges {
         thread = bench.enclave(0x8000, 256, 0, code.word(0));
         bench.enter(thread, 0, 0);
         bench.enter(thread, 1, 0);
-        edges.is("EXIT with a HANDLER, and ENTERED again", "3 2 0, 32832", told(bench.house, 0) + ", " + bench.house.inside(thread, 32));
+        edges.is("EXIT with a HANDLER, and ENTERED again", "3 2 0, 32832",
+            told(bench.house, 0) + ", " + bench.house.inside(thread, 32));
     }
 
     private void eventsOfEnds() {
-        edges.terms(5, 22, "EVENTS of enclaves, in order: a sort, TIME, the hart, THREAD, and three numbers p, q, r: 1 EXIT (value, 0, 0), "
-            + "2 YIELD (value, 0, 0), 3 a FAULT (the exception, 0, 0), ");
+        edges.terms(5, 22, "EVENTS of enclaves, in order: a sort, TIME, the hart, THREAD, and three numbers p, q, r: "
+            + "1 EXIT (value, 0, 0), 2 YIELD (value, 0, 0), 3 a FAULT (the exception, 0, 0), ");
         Bench bench = new Bench(1);
         bench.enclave(0x9000, 256, 0, new Code().exit(0));
         int thread = bench.enclave(0x8000, 256, 0, new Code().call(33, MIN, 9).exit(MAX));
@@ -409,7 +433,8 @@ final class ThreadEdges {
         bench.house.secret(1, 0, 0);
         bench.call(5, thread, 0, 0);
         bench.house.run(1);
-        String[] due = {"2 6 0 1 1 " + MIN + " 0 0", "1 15 1 1 1 " + MAX + " 0 0", "3 16 0 1 1 2 0 0", "0 0 0 0 0 0 0 0"};
+        String[] due = {"2 6 0 1 1 " + MIN + " 0 0", "1 15 1 1 1 " + MAX + " 0 0", "3 16 0 1 1 2 0 0",
+            "0 0 0 0 0 0 0 0"};
         for (int i = 0; i < due.length; i++) {
             edges.is("EVENT " + i, due[i], bench.event(i));
         }
@@ -417,10 +442,12 @@ final class ThreadEdges {
     }
 
     private void eventsOfStores() {
-        edges.terms(5, 22, "4 something is stored in a SHARED REGION or LINK (place, what, not below 0 but of words, how many bytes: 1, 2, 4; ");
+        edges.terms(5, 22, "4 something is stored in a SHARED REGION or LINK (place, what, not below 0 but of words, "
+            + "how many bytes: 1, 2, 4; ");
         Bench bench = new Bench(1);
         bench.call(1, 0x7000, 256);
-        Code code = new Code().set(17, 38).set(10, 2).word(Code.CALL).set(10, 3).word(Code.CALL).set(10, 4).word(Code.CALL)
+        Code code = new Code().set(17, 38).set(10, 2).word(Code.CALL).set(10, 3).word(Code.CALL).set(10, 4)
+            .word(Code.CALL)
             .set(5, SHARED).set(6, -2).set(7, 0xc000).set(8, LINKED)
             .store(0, 5, 6, 3).store(1, 5, 6, 4).store(2, 5, 6, 252).store(2, 8, 6, 0).word(Code.inMemory(0, 9, 5, 6))
             .word(Code.inMemory(3, 9, 5, 6)).word(Code.inMemory(2, 9, 5, 0)).word(Code.inMemory(3, 9, 5, 0))
@@ -432,7 +459,8 @@ final class ThreadEdges {
         bench.enter(thread, 0, 0);
         // The word at the SHARED REGION's beginning has its byte 3 stored first.
         int sum = 0xfe000000 - 2;
-        String[] due = {"5: 2 0 0", "5: 3 0 0", "5: 4 0 0", "4: 40963 254 1", "4: 40964 65534 2", "4: 41212 -2 4", "4: 45056 -2 4",
+        String[] due = {"5: 2 0 0", "5: 3 0 0", "5: 4 0 0", "4: 40963 254 1", "4: 40964 65534 2", "4: 41212 -2 4",
+            "4: 45056 -2 4",
             "4: 40960 " + sum + " 4", "4: 40960 0 4", "1: 0 0 0"};
         for (int i = 0; i < due.length; i++) {
             edges.is("EVENT " + i, due[i], bench.brief(i));
@@ -445,7 +473,8 @@ final class ThreadEdges {
         edges.terms(5, 22, "4 something is stored in a SHARED REGION or LINK (place, what, not below 0 but of words, ");
         Bench bench = new Bench(1);
         bench.call(1, 0x7000, 256);
-        Code code = new Code().set(17, 38).word(Code.CALL).set(6, -1).store(0, 0, 6, 0).store(1, 0, 6, 0).store(2, 0, 6, 0).exit(0);
+        Code code = new Code().set(17, 38).word(Code.CALL).set(6, -1).store(0, 0, 6, 0).store(1, 0, 6, 0)
+            .store(2, 0, 6, 0).exit(0);
         int thread = bench.enclave(0x8000, 256, 0, code);
         bench.call(8, 0);
         edges.is("SHARE", 0, bench.call(9, 1, 0, 256));
@@ -469,14 +498,16 @@ final class ThreadEdges {
         edges.is("SELF, one byte", "4: 33792 " + (due[31] & 255) + " 1", bench.brief(before));
         edges.is("then the YIELD", 2, bench.house.event(before + 1, 0));
         agent.ask(36, 0x8400, 2);
-        edges.is("RANDOM, two bytes", "4: 33792 1, 4: 33793 1", place(bench, before + 2) + ", " + place(bench, before + 3));
+        edges.is("RANDOM, two bytes", "4: 33792 1, 4: 33793 1", place(bench, before + 2) + ", "
+            + place(bench, before + 3));
         edges.is("then the YIELD", 2, bench.house.event(before + 4, 0));
         before = bench.house.count(5);
         agent.ask(34, 0x8300, 0x8400);
         for (int i = 0; i < 128; i++) {
             int word = bench.house.inner(0x8400 + i & ~3);
             if (i % 32 == 0) {
-                edges.is("ATTEST, byte " + i, "4: " + (0x8400 + i) + " " + (word >>> 8 * (i & 3) & 255) + " 1", bench.brief(before + i));
+                edges.is("ATTEST, byte " + i, "4: " + (0x8400 + i) + " " + (word >>> 8 * (i & 3) & 255) + " 1",
+                    bench.brief(before + i));
             }
         }
         edges.is("ATTEST, bytes in all", before + 129, bench.house.count(5));
@@ -497,12 +528,13 @@ final class ThreadEdges {
         steps.house.call(0, 14, 0, 0, SHARED, 0);
         steps.run(5);
         steps.house.call(0, 11, 1, 0, 0, 0);
-        edges.is("none", "0 0", steps.house.count(5) + " " + steps.house.event(0, 0));
+        edges.are("none", "0 0", steps.house.count(5), steps.house.event(0, 0));
     }
 
     private void otherEvents() {
-        edges.terms(5, 22, "5 ACCEPT (the REGION, 0, 0), 6 SEND, eight times (to, k, word k of it), 7 RECEIVE (1 or 0, 0, 0; ahead of what "
-            + "it stores), 8 COUNT (what it became, 0, 0), 9 the PATH is claimed (1, 0, 0) or released (0, 0, 0).");
+        edges.terms(5, 22, "5 ACCEPT (the REGION, 0, 0), 6 SEND, eight times (to, k, word k of it), 7 RECEIVE (1 or "
+            + "0, 0, 0; ahead of what it stores), 8 COUNT (what it became, 0, 0), 9 the PATH is claimed (1, 0, 0) or "
+            + "released (0, 0, 0).");
         Bench bench = new Bench(1);
         Agent first = new Agent(bench, 0x8000);
         Agent second = new Agent(bench, 0x9000);
@@ -514,12 +546,13 @@ final class ThreadEdges {
         for (int k = 0; k < 8; k++) {
             edges.is("SEND " + k, "6: 1 " + k + " " + words[k], bench.brief(at + k));
         }
-        edges.is("then the YIELD", "2 " + (at + 9), bench.house.event(at + 8, 0) + " " + bench.house.count(5));
+        edges.are("then the YIELD", "2 " + (at + 9), bench.house.event(at + 8, 0), bench.house.count(5));
         bench.call(9, 1, SHARED, 256);
         second.ask(38, 4);
         at = bench.house.count(5);
         second.ask(41, SHARED);
-        edges.is("RECEIVE, ahead of its bytes", "7: 1 0 0, 4: 40960 1 1, 4: 40961 2 1", bench.brief(at) + ", " + bench.brief(at + 1) + ", "
+        edges.is("RECEIVE, ahead of its bytes", "7: 1 0 0, 4: 40960 1 1, 4: 40961 2 1",
+            bench.brief(at) + ", " + bench.brief(at + 1) + ", "
             + bench.brief(at + 2));
         edges.is("its bytes", 4, bench.house.event(at + 64, 0));
         second.ask(41, SHARED);
@@ -531,7 +564,8 @@ final class ThreadEdges {
         second.ask(46);
         edges.is("COUNT", "8: 1 0 0, 8: 2 0 0", bench.brief(at) + ", " + bench.brief(at + 2));
         edges.is("the PATH", "9: 1 0 0, 9: 0 0 0", bench.brief(at + 4) + ", " + bench.brief(at + 6));
-        edges.is("whose they are", "0 1 1", bench.house.event(at, 2) + " " + bench.house.event(at, 3) + " " + bench.house.event(at, 4));
+        edges.are("whose they are", "0 1 1", bench.house.event(at, 2), bench.house.event(at, 3),
+            bench.house.event(at, 4));
         at = bench.house.count(5);
         second.ask(46);
         second.ask(38, 4);
@@ -553,11 +587,13 @@ final class ThreadEdges {
         bench.house.run(3 * 331);
         edges.is("nearly so many", 999, bench.house.count(5));
         bench.house.run(3);
-        edges.is("the last one that is kept", "1000 4 999", bench.house.count(5) + " " + bench.house.event(999, 0) + " " + bench.house.event(999, 6));
+        edges.are("the last one that is kept", "1000 4 999", bench.house.count(5), bench.house.event(999, 0),
+            bench.house.event(999, 6));
         bench.house.run(3);
-        edges.is("one more", "1001 0 0", bench.house.count(5) + " " + bench.house.event(1000, 0) + " " + bench.house.event(1000, 6));
-        edges.is("the last one that is kept stays", "4 999", bench.house.event(999, 0) + " " + bench.house.event(999, 6));
+        edges.are("one more", "1001 0 0", bench.house.count(5), bench.house.event(1000, 0), bench.house.event(1000, 6));
+        edges.are("the last one that is kept stays", "4 999", bench.house.event(999, 0), bench.house.event(999, 6));
         edges.is("the first one stays", 5, bench.house.event(0, 0));
-        edges.is("others", 0, bench.house.event(1001, 0) | bench.house.event(-1, 0) | bench.house.event(MIN, 0) | bench.house.event(MAX, 0));
+        edges.is("others", 0, bench.house.event(1001, 0) | bench.house.event(-1, 0) | bench.house.event(MIN,
+            0) | bench.house.event(MAX, 0));
     }
 }

@@ -49,23 +49,24 @@ final class ViewEdges {
         for (int key : new int[] {0, 1, 254, 255}) {
             edges.is("on the PATH", 1, bench.house.type(key));
         }
-        edges.is("how many", "4 4", bench.house.count(19) + " " + bench.house.count(21));
-        edges.is("TYPED", "0 1 254 255", agent.ask(48) + " " + agent.ask(48) + " " + agent.ask(48) + " " + agent.ask(48));
+        edges.are("how many", "4 4", bench.house.count(19), bench.house.count(21));
+        edges.are("TYPED", "0 1 254 255", agent.ask(48), agent.ask(48), agent.ask(48), agent.ask(48));
         agent.ask(46);
         edges.is("for the system again", 0, bench.house.type(7));
-        edges.is("KEYS", "0 1 254 255 7", bench.call(21) + " " + bench.call(21) + " " + bench.call(21) + " " + bench.call(21) + " " + bench.call(21));
+        edges.are("KEYS", "0 1 254 255 7", bench.call(21), bench.call(21), bench.call(21), bench.call(21),
+            bench.call(21));
     }
 
     private void typeRefused() {
         edges.promise(15, "NONE: it is no key, or lost.");
         EnclaveHouse house = new EnclaveHouse(1);
         for (int key : new int[] {-1, 256, 257, MIN, MAX}) {
-            edges.is("no key " + key, "-1 0", house.type(key) + " " + house.count(19));
+            edges.are("no key " + key, "-1 0", house.type(key), house.count(19));
         }
         for (int i = 0; i < 16; i++) {
             house.type(i);
         }
-        edges.is("lost", "-1 16", house.type(5) + " " + house.count(19));
+        edges.are("lost", "-1 16", house.type(5), house.count(19));
         edges.is("the first one is there", 0, house.call(0, 21, 0, 0, 0, 0));
     }
 
@@ -73,12 +74,12 @@ final class ViewEdges {
         edges.promise(16, "Byte i of the PANEL, as the user sees it; NONE.");
         Bench bench = new Bench(1);
         Agent agent = new Agent(bench, BASE);
-        edges.is("empty", "-1 -1", bench.house.panel(0) + " " + bench.house.panel(63));
+        edges.are("empty", "-1 -1", bench.house.panel(0), bench.house.panel(63));
         agent.ask(45);
         agent.ask(47, 0);
         agent.ask(47, 255);
         agent.ask(47, 256 + 65);
-        edges.is("three bytes", "0 255 65", bench.house.panel(0) + " " + bench.house.panel(1) + " " + bench.house.panel(2));
+        edges.are("three bytes", "0 255 65", bench.house.panel(0), bench.house.panel(1), bench.house.panel(2));
         for (int i : new int[] {-1, 3, 63, 64, MIN, MAX}) {
             edges.is("byte " + i, -1, bench.house.panel(i));
         }
@@ -93,7 +94,7 @@ final class ViewEdges {
         boolean was = false;
         for (boolean on : given) {
             edges.is("it was", was, house.line(on));
-            edges.is("PENDING", on ? "512 512" : "0 0", house.control(0, 0x144) + " " + house.control(1, 0x144));
+            edges.are("PENDING", on ? "512 512" : "0 0", house.control(0, 0x144), house.control(1, 0x144));
             was = on;
         }
         house.boot(0);
@@ -109,8 +110,8 @@ final class ViewEdges {
     }
 
     private void enclave() {
-        edges.promise(18, "Of an enclave: what = 0 its state (0: none), 1 base, 2 size, 3 FLAGS (-1 while LOADING), 4 THREADS, 5 GENERATION, "
-            + "6 whether its BOX has a mail (1 or 0), 7 how often it asked for RANDOM bytes.");
+        edges.promise(18, "Of an enclave: what = 0 its state (0: none), 1 base, 2 size, 3 FLAGS (-1 while LOADING), "
+            + "4 THREADS, 5 GENERATION, 6 whether its BOX has a mail (1 or 0), 7 how often it asked for RANDOM bytes.");
         Bench bench = new Bench(1);
         edges.is("none", "0 -1 -1 -1 -1 0 -1 -1", enclaveOf(bench.house, 0));
         bench.call(1, 0, 256);
@@ -137,13 +138,13 @@ final class ViewEdges {
         edges.promise(18, "NONE: no such number or what; but for 0 and 5, if it is not there.");
         Bench bench = ThreadEdges.sixEnclaves();
         for (int what : new int[] {-1, 8, 9, MIN, MAX}) {
-            edges.is("what " + what, "-1 -1", bench.house.enclave(0, what) + " " + bench.house.enclave(5, what));
+            edges.are("what " + what, "-1 -1", bench.house.enclave(0, what), bench.house.enclave(5, what));
         }
         for (int enclave : new int[] {-1, 6, MIN, MAX}) {
             edges.is("enclave " + enclave, "-1 -1 -1 -1 -1 -1 -1 -1", enclaveOf(bench.house, enclave));
         }
         bench.house.boot(0);
-        edges.is("it is not there", "-1 -1", bench.house.enclave(0, -1) + " " + bench.house.enclave(0, 8));
+        edges.are("it is not there", "-1 -1", bench.house.enclave(0, -1), bench.house.enclave(0, 8));
     }
 
     private static String threadOf(EnclaveHouse house, int thread) {
@@ -155,7 +156,8 @@ final class ViewEdges {
     }
 
     private void thread() {
-        edges.promise(19, "Of a THREAD: what = 0 its state (0: none), 1 its enclave, 2 the hart on which it runs (NONE), 3 entry, 4 stack.");
+        edges.promise(19, "Of a THREAD: what = 0 its state (0: none), 1 its enclave, 2 the hart on which it runs "
+            + "(NONE), 3 entry, 4 stack.");
         Bench bench = new Bench(1);
         edges.is("none", "0 -1 -1 -1 -1", threadOf(bench.house, 0));
         bench.call(1, 0x9000, 256);
@@ -183,7 +185,7 @@ final class ViewEdges {
         bench.call(1, BASE, 256);
         bench.call(3, 0, 0, 0);
         for (int what : new int[] {-1, 5, 6, MIN, MAX}) {
-            edges.is("what " + what, "-1 -1", bench.house.thread(0, what) + " " + bench.house.thread(1, what));
+            edges.are("what " + what, "-1 -1", bench.house.thread(0, what), bench.house.thread(1, what));
         }
         edges.is("it is not there", "0 -1 -1 -1 -1", threadOf(bench.house, 11));
         for (int thread : new int[] {-1, 12, MIN, MAX}) {
@@ -200,8 +202,8 @@ final class ViewEdges {
     }
 
     private void region() {
-        edges.promise(20, "Of a REGION: what = 0 its SORT (0: none), 1 base, 2 size, 3 its enclave, 4 the other enclave of a LINK (NONE), 5 who ACCEPTED it: "
-            + "1 the first, 2 the other one, together.");
+        edges.promise(20, "Of a REGION: what = 0 its SORT (0: none), 1 base, 2 size, 3 its enclave, 4 the other "
+            + "enclave of a LINK (NONE), 5 who ACCEPTED it: 1 the first, 2 the other one, together.");
         Bench bench = new Bench(1);
         Agent first = new Agent(bench, BASE);
         Agent second = new Agent(bench, 0x9000);
@@ -228,20 +230,21 @@ final class ViewEdges {
         edges.promise(20, "NONE: no such number or what; but for 0, if it is not there.");
         Bench bench = RegionEdges.twelveRegions();
         for (int what : new int[] {-1, 6, 7, MIN, MAX}) {
-            edges.is("what " + what, "-1 -1", bench.house.region(0, what) + " " + bench.house.region(11, what));
+            edges.are("what " + what, "-1 -1", bench.house.region(0, what), bench.house.region(11, what));
         }
         for (int region : new int[] {-1, 12, MIN, MAX}) {
             edges.is("REGION " + region, "-1 -1 -1 -1 -1 -1", regionOf(bench.house, region));
         }
         bench.call(11, 11);
         edges.is("it is not there", "0 -1 -1 -1 -1 -1", regionOf(bench.house, 11));
-        edges.is("it is not there", "-1 -1", bench.house.region(11, 6) + " " + bench.house.region(11, -1));
+        edges.are("it is not there", "-1 -1", bench.house.region(11, 6), bench.house.region(11, -1));
     }
 
     private void entry() {
         edges.promise(21, "Of ENTRY i of a hart, as it is now: what = 0 base, 1 size, 2 RIGHTS.");
         Bench bench = new Bench(1);
-        edges.is("at first", "0 131072 7", bench.house.entry(0, 0, 0) + " " + bench.house.entry(0, 0, 1) + " " + bench.house.entry(0, 0, 2));
+        edges.are("at first", "0 131072 7", bench.house.entry(0, 0, 0), bench.house.entry(0, 0, 1),
+            bench.house.entry(0, 0, 2));
         int thread = bench.enclave(BASE, 256, 0, new Code().call(33, 0, 0).word(0));
         edges.is("an enclave came", "32768 256 0, 0 131072 7", row(bench, 0) + ", " + row(bench, 1));
         bench.call(5, thread, 0, 0);
@@ -265,7 +268,8 @@ final class ViewEdges {
         bench.house.call(1, 5, thread, 0, 0, 0);
         for (int hart = 0; hart < 2; hart++) {
             for (int i : new int[] {-1, 2 - hart, 3, 12, 13, MIN, MAX}) {
-                edges.is("ENTRY " + i, "-1 -1 -1", bench.house.entry(hart, i, 0) + " " + bench.house.entry(hart, i, 1) + " " + bench.house.entry(hart, i, 2));
+                edges.are("ENTRY " + i, "-1 -1 -1", bench.house.entry(hart, i, 0), bench.house.entry(hart, i, 1),
+                    bench.house.entry(hart, i, 2));
             }
             for (int what : new int[] {-1, 3, 4, MIN, MAX}) {
                 edges.is("what " + what, -1, bench.house.entry(hart, 0, what));
@@ -282,7 +286,8 @@ final class ViewEdges {
         bench.call(1, 0x7000, 256);
         bench.call(3, 0, 0, 0);
         bench.call(3, 0, 0, 0);
-        int thread = bench.enclave(BASE, 256, 0, new Code().set(17, 38).word(Code.CALL).set(5, 0xa000).store(1, 5, 5, 2).exit(-9));
+        int thread = bench.enclave(BASE, 256, 0, new Code().set(17, 38).word(Code.CALL).set(5, 0xa000)
+            .store(1, 5, 5, 2).exit(-9));
         int region = bench.call(9, 1, 0xa000, 256);
         bench.house.run(3);
         bench.house.call(1, 5, thread, region, 0, 0);
@@ -302,7 +307,7 @@ final class ViewEdges {
             edges.is("EVENT " + i, "0 0 0 0 0 0 0 0", bench.event(i));
         }
         for (int what : new int[] {-1, 8, 9, MIN, MAX}) {
-            edges.is("what " + what, "0 0", bench.house.event(0, what) + " " + bench.house.event(1, what));
+            edges.are("what " + what, "0 0", bench.house.event(0, what), bench.house.event(1, what));
         }
         bench.house.boot(0);
         edges.is("behind boot", "0 0 0 0 0 0 0 0", bench.event(0));
@@ -311,12 +316,12 @@ final class ViewEdges {
     private void console() {
         edges.promise(23, "Byte i of the CONSOLE; NONE.");
         EnclaveHouse house = new EnclaveHouse(1);
-        edges.is("empty", "-1 -1", house.console(0) + " " + house.console(1023));
+        edges.are("empty", "-1 -1", house.console(0), house.console(1023));
         int[] given = {0, 255, 300};
         for (int one : given) {
             house.call(0, 12, one, 0, 0, 0);
         }
-        edges.is("three bytes", "0 255 44", house.console(0) + " " + house.console(1) + " " + house.console(2));
+        edges.are("three bytes", "0 255 44", house.console(0), house.console(1), house.console(2));
         for (int i : new int[] {-1, 3, 1023, 1024, MIN, MAX}) {
             edges.is("byte " + i, -1, house.console(i));
         }
@@ -326,10 +331,10 @@ final class ViewEdges {
         edges.promise(24, "Byte k (0 .. 255) of a sector of THE DISK becomes v (0 .. 255), -1: it stays: what it was.");
         EnclaveHouse house = new EnclaveHouse(1);
         for (int[] one : new int[][] {{0, 0}, {0, 255}, {31, 0}, {31, 255}, {7, 130}}) {
-            edges.is("it was", "0 255 0 129 129", house.disk(one[0], one[1], 255) + " " + house.disk(one[0], one[1], 0) + " " + house.disk(one[0], one[1], 129) + " "
-                + house.disk(one[0], one[1], -1) + " " + house.disk(one[0], one[1], -1));
+            edges.are("it was", "0 255 0 129 129", house.disk(one[0], one[1], 255), house.disk(one[0], one[1], 0),
+                house.disk(one[0], one[1], 129), house.disk(one[0], one[1], -1), house.disk(one[0], one[1], -1));
         }
-        edges.is("those beside one", "0 0", house.disk(7, 129, -1) + " " + house.disk(7, 131, -1));
+        edges.are("those beside one", "0 0", house.disk(7, 129, -1), house.disk(7, 131, -1));
     }
 
     private void diskRefused() {
@@ -337,10 +342,10 @@ final class ViewEdges {
         EnclaveHouse house = new EnclaveHouse(1);
         long before = house.outside();
         for (int none : new int[] {-1, 32, 33, MIN, MAX}) {
-            edges.is("sector " + none, "-1 -1", house.disk(none, 0, 5) + " " + house.disk(none, 0, -1));
+            edges.are("sector " + none, "-1 -1", house.disk(none, 0, 5), house.disk(none, 0, -1));
         }
         for (int none : new int[] {-1, 256, 257, MIN, MAX}) {
-            edges.is("byte " + none, "-1 -1", house.disk(0, none, 5) + " " + house.disk(0, none, -1));
+            edges.are("byte " + none, "-1 -1", house.disk(0, none, 5), house.disk(0, none, -1));
         }
         for (int none : new int[] {-2, 256, MIN, MAX}) {
             edges.is("v " + none, -1, house.disk(0, 0, none));
@@ -349,12 +354,13 @@ final class ViewEdges {
     }
 
     private void digest() {
-        edges.promise(25, "Word k (0 .. 7, its highest byte being the earliest) of SHA-256 of n bytes (0 .. 4,096) from a place on (0 .. 131,072 less n), "
-            + "as word() shows them.");
+        edges.promise(25, "Word k (0 .. 7, its highest byte being the earliest) of SHA-256 of n bytes (0 .. 4,096) "
+            + "from a place on (0 .. 131,072 less n), as word() shows them.");
         Bench bench = new Bench(1);
         bench.house.poke(131052, 1, 2, 3, 4, -5);
         bench.house.poke(0, 6, 7, 8, 9, 10);
-        int[][] given = {{0, 0}, {131072, 0}, {0, 1}, {131071, 1}, {0, 4096}, {131072 - 4096, 4096}, {131072 - 4095, 4095}, {3, 7}};
+        int[][] given = {{0, 0}, {131072, 0}, {0, 1}, {131071, 1}, {0, 4096}, {131072 - 4096, 4096},
+            {131072 - 4095, 4095}, {3, 7}};
         for (int[] one : given) {
             byte[] bytes = new byte[one[1]];
             for (int i = 0; i < one[1]; i++) {
@@ -365,7 +371,8 @@ final class ViewEdges {
                 bytes[i] = (byte) (word >>> 8 * (place & 3));
             }
             for (int k = 0; k < 8; k++) {
-                edges.is(one[1] + " bytes from " + one[0] + ", word " + k, Bench.word(Bench.sha(bytes), k), bench.house.digest(one[0], one[1], k));
+                edges.is(one[1] + " bytes from " + one[0] + ", word " + k, Bench.word(Bench.sha(bytes), k),
+                    bench.house.digest(one[0], one[1], k));
             }
         }
         bench.call(1, BASE, 256);
@@ -388,13 +395,15 @@ final class ViewEdges {
         for (int n : new int[] {-1, 4097, 131072, MIN, MAX}) {
             edges.is("n " + n, 0, house.digest(0, n, 0));
         }
-        for (int[] one : new int[][] {{-1, 0}, {-1, 4}, {131073, 0}, {131072, 1}, {131071, 2}, {131072 - 4095, 4096}, {MIN, 0}, {MAX, 0}, {MAX, 4096}, {MIN, 4096}}) {
+        for (int[] one : new int[][] {{-1, 0}, {-1, 4}, {131073, 0}, {131072, 1}, {131071, 2}, {131072 - 4095, 4096},
+            {MIN, 0}, {MAX, 0}, {MAX, 4096}, {MIN, 4096}}) {
             edges.is("place " + one[0] + ", n " + one[1], 0, house.digest(one[0], one[1], 0));
         }
     }
 
     private void genuine() {
-        edges.promise(26, "Whether 128 bytes from a place on, as word() shows them, are a REPORT of this machine's as it is now.");
+        edges.promise(26, "Whether 128 bytes from a place on, as word() shows them, are a REPORT of this machine's "
+            + "as it is now.");
         Bench bench = new Bench(1);
         Agent agent = new Agent(bench, BASE);
         bench.call(9, 0, 0xa000, 512);
@@ -402,7 +411,8 @@ final class ViewEdges {
         for (int offset : new int[] {0, 1, 2, 3, 384}) {
             agent.ask(34, BASE + 0x300, 0xa000 + offset);
             edges.is("at " + offset, true, bench.house.genuine(0xa000 + offset));
-            edges.is("one byte before it, and behind", false, bench.house.genuine(0xa000 + offset - 1) || bench.house.genuine(0xa000 + offset + 1));
+            edges.is("one byte before it, and behind", false, bench.house.genuine(0xa000
+                + offset - 1) || bench.house.genuine(0xa000 + offset + 1));
         }
         byte[] report = bench.innerBytes(0xa180, 128);
         agent.ask(34, BASE + 0x300, BASE + 0x200);
@@ -443,32 +453,34 @@ final class ViewEdges {
     }
 
     private void counts() {
-        edges.promise(28, "What = 0 TIME, 1 whether the machine is OFF (1 or 0), 2 enclaves, 3 REGIONS, 4 THREADS, 5 EVENTS in all, 6 bytes of the CONSOLE, "
-            + "7 DMAs that wait, ");
+        edges.promise(28, "What = 0 TIME, 1 whether the machine is OFF (1 or 0), 2 enclaves, 3 REGIONS, 4 THREADS, 5 "
+            + "EVENTS in all, 6 bytes of the CONSOLE, 7 DMAs that wait, ");
         Bench bench = ThreadEdges.sixEnclaves();
         EnclaveHouse house = bench.house;
-        edges.is("enclaves, REGIONS, THREADS", "6 6 0", house.count(2) + " " + house.count(3) + " " + house.count(4));
+        edges.are("enclaves, REGIONS, THREADS", "6 6 0", house.count(2), house.count(3), house.count(4));
         for (int i = 0; i < 12; i++) {
             bench.call(3, i / 2, 0, 0);
         }
         for (int i = 0; i < 6; i++) {
             bench.call(9, 0, 0xa000 + 256 * i, 256);
         }
-        edges.is("all of them", "6 12 12", house.count(2) + " " + house.count(3) + " " + house.count(4));
+        edges.are("all of them", "6 12 12", house.count(2), house.count(3), house.count(4));
         bench.call(8, 0);
-        edges.is("one enclave less", "5 5 10", house.count(2) + " " + house.count(3) + " " + house.count(4));
+        edges.are("one enclave less", "5 5 10", house.count(2), house.count(3), house.count(4));
         bench.call(12, 65);
         bench.call(12, 66);
         bench.call(14, 0, 0, 0x400);
         bench.call(14, 0, 0, 0x400);
-        edges.is("TIME, OFF, EVENTS, CONSOLE, DMAs", "0 0 0 2 2", house.count(0) + " " + house.count(1) + " " + house.count(5) + " " + house.count(6) + " " + house.count(7));
+        edges.are("TIME, OFF, EVENTS, CONSOLE, DMAs", "0 0 0 2 2", house.count(0), house.count(1), house.count(5),
+            house.count(6), house.count(7));
         bench.call(4, 1, 0);
         bench.call(5, 2, 0, 0);
         house.run(5);
         bench.call(18);
-        edges.is("later", "5 1 1 2 1", house.count(0) + " " + house.count(1) + " " + house.count(5) + " " + house.count(6) + " " + house.count(7));
-        edges.promise(28, "16 MEASUREMENTS with a COUNTER, 17 DMAs done and not told, 18 FAILED of these, 19 keys that wait for the system, "
-            + "20 the enclave that has the PATH (NONE), 21 keys that wait on it, 22 bytes on the PANEL.");
+        edges.are("later", "5 1 1 2 1", house.count(0), house.count(1), house.count(5), house.count(6), house.count(7));
+        edges.promise(28, "16 MEASUREMENTS with a COUNTER, 17 DMAs done and not told, 18 FAILED of these, 19 keys "
+            + "that wait for the system, 20 the enclave that has the PATH (NONE), 21 keys that wait on it, 22 bytes "
+            + "on the PANEL.");
         bench = new Bench(1);
         house = bench.house;
         edges.is("at first", "0 0 0 0 -1 0 0", counts(house));
@@ -497,8 +509,8 @@ final class ViewEdges {
     }
 
     private void countsOfHarts() {
-        edges.promise(28, "8 the THREAD on hart 0, 9 on hart 1 (NONE), 10 whether hart 0 WAITS, 11 whether hart 1 does, 12 MODE of hart 0, 13 of hart 1, "
-            + "14 the PC of hart 0, 15 of hart 1 (of the system), ");
+        edges.promise(28, "8 the THREAD on hart 0, 9 on hart 1 (NONE), 10 whether hart 0 WAITS, 11 whether hart 1 "
+            + "does, 12 MODE of hart 0, 13 of hart 1, 14 the PC of hart 0, 15 of hart 1 (of the system), ");
         for (int hart = 0; hart < 2; hart++) {
             Bench bench = new Bench(1);
             bench.call(1, 0x7000, 256);
@@ -509,14 +521,15 @@ final class ViewEdges {
             bench.house.place(hart, 0x200, 1);
             bench.house.place(1 - hart, 0x100, 0);
             bench.house.run(1);
-            int[] due = {-1, -1, 1 - hart, hart, hart == 0 ? 1 : 0, hart, hart == 0 ? 0x204 : 0x100, hart == 0 ? 0x100 : 0x204};
+            int[] due = {-1, -1, 1 - hart, hart, hart == 0 ? 1 : 0, hart, hart == 0 ? 0x204 : 0x100,
+                hart == 0 ? 0x100 : 0x204};
             for (int what = 8; what < 16; what++) {
                 edges.is("count(" + what + ")", due[what - 8], bench.house.count(what));
             }
             bench.house.call(hart, 5, thread, 0, 0, 0);
             bench.house.run(2);
-            edges.is("its THREAD, and WAITS, PC as the system's", thread + " -1 0 516", bench.house.count(8 + hart) + " " + bench.house.count(9 - hart) + " "
-                + bench.house.count(10 + hart) + " " + bench.house.count(14 + hart));
+            edges.are("its THREAD, and WAITS, PC as the system's", thread + " -1 0 516", bench.house.count(8 + hart),
+                bench.house.count(9 - hart), bench.house.count(10 + hart), bench.house.count(14 + hart));
         }
     }
 
