@@ -37,6 +37,7 @@ final class SystemCallEdges {
         of.stopBusy();
         of.destroy();
         of.destroyTakesAll();
+        of.destroyTakesNoMore();
         of.share();
         of.shareRefusals();
         of.link();
@@ -616,6 +617,30 @@ final class SystemCallEdges {
         edges.is("the PATH of another one stays", 0, second.ask(45));
         bench.call(8, 0);
         edges.is("who has it", 1, bench.house.count(20));
+    }
+
+    /** What the enclave had once, and another one has now or nobody, stays. */
+    private void destroyTakesNoMore() {
+        edges.terms(6, 13, "its THREADS, BOX, SHARED REGIONS, LINKS, EXTRA (as with DROP), and it itself are no more; ");
+        Bench bench = ready();
+        bench.call(1, 0x9000, 256);
+        int shared = bench.call(9, 0, 0xa000, 256);
+        int link = bench.call(10, 0, 1, 0xb000, 256);
+        int extra = bench.call(20, 0, 0xc000, 256);
+        bench.call(11, extra);
+        bench.call(11, link);
+        bench.call(11, shared);
+        edges.is("the place of the first one is an enclave's now", 2, bench.call(1, 0xa000, 256));
+        bench.house.secret(2, 0, 7);
+        bench.house.poke(0xb000, 8, 0, 0, 0, 0);
+        bench.house.poke(0xc000, 9, 0, 0, 0, 0);
+        bench.call(7, 0);
+        edges.is("DESTROY", 0, bench.call(8, 0));
+        edges.are("bytes", "7 8 9", bench.house.inner(0xa000), bench.house.word(0xb000), bench.house.word(0xc000));
+        edges.are("the other enclaves", "1 1 40960", bench.house.enclave(1, 0), bench.house.enclave(2, 0),
+            bench.house.enclave(2, 1));
+        edges.are("what is not OPEN is so still", "-1 -1", bench.house.poke(0xa000, 1, 1, 1, 1, 1),
+            bench.house.poke(0x9000, 1, 1, 1, 1, 1));
     }
 
     private void share() {

@@ -341,11 +341,13 @@ final class ViewEdges {
         edges.promise(24, "NONE: no such one.");
         EnclaveHouse house = new EnclaveHouse(1);
         long before = house.outside();
-        for (int none : new int[] {-1, 32, 33, MIN, MAX}) {
+        // Times 256, the last two wrap around to sectors 0 and 31.
+        for (int none : new int[] {-1, 32, 33, MIN, MAX, 1 << 24, MIN + 31}) {
             edges.are("sector " + none, "-1 -1", house.disk(none, 0, 5), house.disk(none, 0, -1));
         }
         for (int none : new int[] {-1, 256, 257, MIN, MAX}) {
-            edges.are("byte " + none, "-1 -1", house.disk(0, none, 5), house.disk(0, none, -1));
+            edges.are("byte " + none, "-1 -1 -1", house.disk(0, none, 5), house.disk(0, none, -1),
+                house.disk(1, none, 5));
         }
         for (int none : new int[] {-2, 256, MIN, MAX}) {
             edges.is("v " + none, -1, house.disk(0, 0, none));
