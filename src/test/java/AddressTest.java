@@ -10,6 +10,7 @@ public final class AddressTest {
     private static final Check check = new Check("AddressTest");
 
     public static void main(String[] args) {
+        check.look(args);
         trapsFromModes();
         plainWalks();
         bigPages();
@@ -60,6 +61,8 @@ public final class AddressTest {
     }
 
     private static void trapsFromModes() {
+        check.terms(3, 14, "A TRAP goes to S: EPC is the PC, CAUSE the number (of an interrupt bit 31, too),");
+        check.terms(3, 14, "PIE becomes IE, IE 0, PP 1 if it came from S, else 0; the MODE is S, the PC TVEC.");
         EnclaveHouse house = new EnclaveHouse(1);
         house.setControl(0, 0x105, 0x800);
         house.setControl(0, 0x100, 2 | SUM);
@@ -80,6 +83,8 @@ public final class AddressTest {
     }
 
     private static void plainWalks() {
+        check.terms(3, 14, "With bit 31 of ATP clear an address is its PLACE; else a WALK:");
+        check.terms(3, 14, "bits 11 .. 0 from the address.");
         loads("R W", leaf(0x5000, 0xc7), 0, true);
         stores("R W", leaf(0x5000, 0xc7), 0, true);
         EnclaveHouse house = mapped(leaf(0x5000, 0xc7), 0, LOAD);
@@ -108,6 +113,8 @@ public final class AddressTest {
     }
 
     private static void bigPages() {
+        check.terms(3, 14, "a LEAF in the first table has one of bits 10 .. 19 set;");
+        check.terms(3, 14, "(of a LEAF in the first table bits 21 .. 12 from the address),");
         EnclaveHouse house = mapped(0, 0, LOAD);
         house.poke(TABLE + 4, 0xc7, 0, 0, 0, 0);
         house.setRegister(0, 5, 0x405000);
@@ -131,6 +138,8 @@ public final class AddressTest {
     }
 
     private static void rightsOfLeaves() {
+        check.terms(3, 14, "a load R (or X with MXR), a store W; bit 6 (A) must be set, for stores bit 7 (D); U "
+            + "wants bit 4 (U) set, S clear, but for loads and stores with SUM either way.");
         loads("no R", leaf(0x5000, 0xc9), 0, false);
         loads("X with MXR", leaf(0x5000, 0xc9), MXR, true);
         loads("no A", leaf(0x5000, 0x87), 0, false);
@@ -156,6 +165,8 @@ public final class AddressTest {
     }
 
     private static void faultyTables() {
+        check.terms(3, 14, "an entry has bit 0 (V) clear, or W without R; the second one is no LEAF;");
+        check.terms(3, 14, "Each entry must be LET THROUGH (4) as a load of a word,");
         loads("no V", leaf(0x5000, 0xc6), 0, false);
         loads("W without R", leaf(0x5000, 0xcd), MXR, false);
         loads("the second one is no leaf", leaf(0x5000, 0xc1), 0, false);
@@ -180,6 +191,8 @@ public final class AddressTest {
     }
 
     private static void walksIntoEnclaves() {
+        check.terms(3, 14, "Each entry must be LET THROUGH (4) as a load of a word, and at last the access itself "
+            + "at its PLACE: else exception 1 (fetch), 5 (load), 7 (store), by what was asked for.");
         EnclaveHouse house = mapped(leaf(0x8000, 0xc7), 0, LOAD);
         house.call(0, 1, 0x8000, 4096, 0, 0);
         house.run(1);
@@ -210,11 +223,15 @@ public final class AddressTest {
         house.poke(0x5000, Code.NOTHING, 0, 0, 0, 0);
         house.place(0, address, mode);
         house.run(1);
-        check.is("fetch at " + address + " in " + mode, due, due == 0 ? house.count(14) - address - 4 : house.control(0, 0x142));
+        check.is("fetch at " + address + " in " + mode, due,
+            due == 0 ? house.count(14) - address - 4 : house.control(0, 0x142));
         check.is("its TVAL", value, house.control(0, 0x143));
     }
 
     private static void fetches() {
+        check.terms(3, 14, "PAGE FAULT, 12 (fetch), 13 (load), 15 (store):");
+        check.terms(3, 14, "a fetch wants X,");
+        check.terms(3, 14, "else exception 1 (fetch),");
         fetchesAt(0x4000, 0, 0, 0, 0);
         fetchesAt(0x4000, 1, 0, 12, 0x4000);
         fetchesAt(0x4000, 1, SUM, 12, 0x4000);
@@ -232,6 +249,8 @@ public final class AddressTest {
     }
 
     private static void instructionsOfU() {
+        check.terms(3, 14, "in U and with a THREAD all but 0xc01.");
+        check.terms(2, 14, "(258, 261 and this are ILLEGAL elsewhere.)");
         int[] words = {
             Code.LEAVE_TRAP, Code.WAIT, Code.byRegister(115, 0, 0, 0, 0, 9), Code.control(7, 2, 0, 0x100),
             Code.control(7, 2, 0, 0xf14), Code.control(7, 1, 0, 0xc01), Code.control(7, 2, 5, 0xc01)
@@ -254,6 +273,8 @@ public final class AddressTest {
     }
 
     private static void interruptOrder() {
+        check.terms(1, 14, "INTERRUPTS of a hart: 9 (from outside), 1 (a signal), 5 (its timer), the first in this "
+            + "order.");
         EnclaveHouse house = new EnclaveHouse(1);
         house.setControl(0, 0x105, 0x800);
         house.poke(0x800, Code.NOTHING, Code.NOTHING, Code.NOTHING, Code.NOTHING, Code.NOTHING);
@@ -276,6 +297,8 @@ public final class AddressTest {
     }
 
     private static void interruptsByMode() {
+        check.terms(1, 14, "DUE is one that is PENDING and ENABLED: with a THREAD and in U always, in S if IE of "
+            + "STATUS is 1.");
         EnclaveHouse house = new EnclaveHouse(1);
         house.poke(0x200, Code.NOTHING, Code.NOTHING, Code.NOTHING, Code.NOTHING, Code.NOTHING);
         house.setControl(0, 0x105, 0x800);
@@ -306,6 +329,8 @@ public final class AddressTest {
     }
 
     private static void waiting() {
+        check.terms(1, 14, "1. If it WAITS, and none of its interrupts is PENDING and ENABLED, that is all; else it "
+            + "waits no more.");
         EnclaveHouse house = new EnclaveHouse(1);
         house.poke(CODE, Code.WAIT, Code.NOTHING, Code.NOTHING, Code.NOTHING, Code.NOTHING);
         house.place(0, CODE, 1);

@@ -3,6 +3,7 @@ public final class DeviceTest {
     private static final Check check = new Check("DeviceTest");
 
     public static void main(String[] args) {
+        check.look(args);
         diskBytes();
         toMemory();
         fromMemory();
@@ -20,6 +21,8 @@ public final class DeviceTest {
     }
 
     private static void diskBytes() {
+        check.promise(24, "Byte k (0 .. 255) of a sector of THE DISK becomes v (0 .. 255), -1: it stays: what it "
+            + "was. NONE: no such one.");
         EnclaveHouse house = new EnclaveHouse(1);
         check.is("it was 0", 0, house.disk(0, 0, 255));
         check.is("it was 255", 255, house.disk(0, 0, 1));
@@ -37,6 +40,10 @@ public final class DeviceTest {
     }
 
     private static void toMemory() {
+        check.terms(8, 14, "At the end of each ROUND each has waited for one more (0 when it came); then the first "
+            + "one, if it has waited for 5 or more, is done (one in a ROUND): the bytes go from the sector to "
+            + "MEMORY,");
+        check.terms(6, 13, "15 TOLD: how many DMAs were done that were not told,");
         Bench bench = new Bench(1);
         EnclaveHouse house = bench.house;
         house.disk(3, 0, 0x11);
@@ -67,6 +74,7 @@ public final class DeviceTest {
     }
 
     private static void fromMemory() {
+        check.terms(8, 14, "the bytes go from the sector to MEMORY, or back,");
         Bench bench = new Bench(1);
         bench.house.poke(0x2000, 0x04030201, 5, 6, 7, 8);
         bench.call(14, 1, 31, 0x2000);
@@ -78,6 +86,8 @@ public final class DeviceTest {
     }
 
     private static void inOrder() {
+        check.terms(8, 14, "Requests wait in order.");
+        check.terms(8, 14, "is done (one in a ROUND):");
         Bench bench = new Bench(1);
         bench.house.disk(0, 0, 1);
         bench.call(14, 0, 0, 0x2000);
@@ -99,6 +109,8 @@ public final class DeviceTest {
 
     /** Each waits from when it came, also when others go ahead of it. */
     private static void oneByOne() {
+        check.terms(8, 14, "each has waited for one more (0 when it came); then the first one, if it has waited for "
+            + "5 or more, is done");
         Bench bench = new Bench(1);
         bench.call(14, 0, 0, 0x2000);
         bench.house.run(4);
@@ -112,6 +124,8 @@ public final class DeviceTest {
     }
 
     private static void failures() {
+        check.terms(8, 14, "if all those of MEMORY are OPEN then; else it FAILED.");
+        check.terms(6, 13, "and 256 times how many of these FAILED; they are told then.");
         Bench bench = new Bench(1);
         bench.house.disk(0, 0, 1);
         bench.call(14, 0, 0, 0x8000 - 252);
@@ -133,6 +147,8 @@ public final class DeviceTest {
     }
 
     private static void dmaTakesReservations() {
+        check.terms(2, 14, "stored by anybody (also by the monitor, which makes bytes 0 or writes them, by LOAD, a "
+            + "device,");
         Bench bench = new Bench(1);
         bench.stillHart1();
         bench.system(0x100, new Code().set(5, 0x2000).word(Code.inMemory(2, 7, 5, 0)).word(Code.NOTHING)
@@ -143,6 +159,9 @@ public final class DeviceTest {
     }
 
     private static void keysForTheSystem() {
+        check.promise(15, "The user types a key: 1 if it waits on the PATH now, 0 if for the system. NONE: it is no "
+            + "key, or lost.");
+        check.terms(6, 13, "21 KEYS: the key that waits longest for the system; 256: none does.");
         Bench bench = new Bench(1);
         check.is("no key", -1, bench.house.type(-1));
         check.is("no key", -1, bench.house.type(256));
@@ -163,6 +182,10 @@ public final class DeviceTest {
     }
 
     private static void path() {
+        check.terms(8, 15, "While an enclave has it, keys that are typed wait on it (16 at most, others are lost), "
+            + "else for the system (16 likewise). When it is claimed, or released, nothing waits on it, and the "
+            + "PANEL is empty.");
+        check.promise(16, "Byte i of the PANEL, as the user sees it; NONE.");
         Bench bench = new Bench(1);
         Code code = new Code().callTo(20, 45, 0, 0).call(33, 0, 0).callTo(21, 48, 0, 0).callTo(22, 47, 0x1ab, 0)
             .callTo(23, 47, 0, 0).callTo(24, 48, 0, 0).callTo(25, 48, 0, 0).call(33, 0, 0).callTo(26, 46, 0, 0).exit(0);
@@ -198,6 +221,9 @@ public final class DeviceTest {
     }
 
     private static void pathRefusals() {
+        check.terms(6, 14, "46 RELEASE it. STATE: it has it not. 0. 47 SHOW: the lowest byte of p comes onto the "
+            + "PANEL. STATE as before. FULL: 64 are there. How many are. 48 TYPED: the key that waits longest on "
+            + "the PATH; 256: none does. STATE as before.");
         Bench bench = new Bench(1);
         Code code = new Code().callTo(20, 46, 0, 0).callTo(21, 47, 1, 0).callTo(22, 48, 0, 0).callTo(23, 45, 0, 0)
             .callTo(24, 45, 0, 0).callTo(25, 48, 0, 0);
@@ -218,6 +244,8 @@ public final class DeviceTest {
     }
 
     private static void pathOfAnother() {
+        check.terms(6, 14, "45 CLAIM the PATH (8). STATE: it has it. BUSY: another one has. 0. 46 RELEASE it. "
+            + "STATE: it has it not.");
         Bench bench = new Bench(1);
         Code code = new Code().callTo(20, 45, 0, 0).callTo(21, 46, 0, 0).callTo(22, 47, 0, 0).exit(0);
         int owner = bench.enclave(0x9000, 256, 0, new Code().call(45, 0, 0).exit(0));
@@ -231,6 +259,7 @@ public final class DeviceTest {
     }
 
     private static void pathGoesWithTheEnclave() {
+        check.terms(6, 13, "the PATH, if it has that, is released (no EVENT). 0.");
         Bench bench = new Bench(1);
         int owner = bench.enclave(0x9000, 256, 0, new Code().call(45, 0, 0).call(47, 65, 0).exit(0));
         bench.enter(owner, 0, 0);
@@ -245,6 +274,8 @@ public final class DeviceTest {
     }
 
     private static void console() {
+        check.promise(23, "Byte i of the CONSOLE; NONE.");
+        check.terms(6, 13, "12 PUT: the lowest byte of p goes to the CONSOLE.");
         Bench bench = new Bench(1);
         check.is("PUT", 1, bench.call(12, 0x141));
         check.is("PUT", 2, bench.call(12, -1));

@@ -10,9 +10,9 @@ import java.util.regex.Pattern;
 
 /** The document's Terms and Promises, sentence by sentence, and which of them a test was made from. */
 final class Doc {
-    /** A heading of the Terms or of a promise; the Terms begin with sentences that have no number. */
+    /** A heading; the Terms begin with sentences that have no number. */
     private static final Pattern HEADING =
-        Pattern.compile("(?m)^(?:## (Terms)|======== (?=(\\d))|## (Promise \\d+).*|## .*)");
+        Pattern.compile("(?m)^(?:## (Terms)|======== (?=(\\d))|## (Promise \\d+|What it is|The public face).*|## .*)");
     /** Where one sentence, or part of it, ends and the next one begins; the two dots of '0 .. 5' end none. */
     private static final Pattern BETWEEN = Pattern.compile("(?<=[.;)])(?<!\\.\\.) (?=[A-Z0-9(])");
 
@@ -35,7 +35,7 @@ final class Doc {
 
     private void keep(String name, String text) {
         if (name != null) {
-            String plain = plain(text.replace("```text", " ").replace("```", " "));
+            String plain = plain(text.replaceAll("```\\w*", " "));
             sections.put(name, plain.startsWith("`") ? plain.substring(plain.indexOf("`: ") + 3) : plain);
             quoted.put(name, new boolean[sections.get(name).length()]);
         }
@@ -58,13 +58,14 @@ final class Doc {
         return true;
     }
 
-    /** The sentences that have a letter or digit which no test quoted. */
+    /** The sentences of the Terms and promises that have a letter or digit which no test quoted. */
     List<String> unquoted() {
         List<String> found = new ArrayList<>();
         for (Map.Entry<String, String> section : sections.entrySet()) {
+            boolean asks = section.getKey().matches("(Terms|Promise) .*");
             int at = 0;
             for (String sentence : BETWEEN.split(section.getValue())) {
-                if (!isQuoted(sentence, at, quoted.get(section.getKey()))) {
+                if (asks && !isQuoted(sentence, at, quoted.get(section.getKey()))) {
                     found.add(section.getKey() + ": " + sentence);
                 }
                 at += sentence.length() + 1;

@@ -1,12 +1,8 @@
-import java.io.IOException;
-import java.nio.file.Files;
-import java.nio.file.Path;
-
 /** Runs the tests of the document's boundary cases; the argument is where the document is. */
 public final class EdgesTest {
-    public static void main(String[] args) throws IOException {
-        Path path = Path.of(args.length > 0 ? args[0] : "../shared/DOC.md");
-        Edges edges = new Edges(Files.isReadable(path) ? new Doc(path) : null);
+    public static void main(String[] args) {
+        Edges edges = new Edges();
+        edges.look(args);
         MachineEdges.all(edges);
         InstructionEdges.all(edges);
         SpecialEdges.all(edges);

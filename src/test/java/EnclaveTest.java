@@ -3,6 +3,8 @@ public final class EnclaveTest {
     private static final Check check = new Check("EnclaveTest");
 
     public static void main(String[] args) {
+        check.look(args);
+        exampleOfReadme();
         exits();
         yields();
         faults();
@@ -29,7 +31,26 @@ public final class EnclaveTest {
         return house.register(hart, 10) + " " + house.register(hart, 11) + " " + house.register(hart, 12);
     }
 
+    private static void exampleOfReadme() {
+        check.terms(5, 14, "EXIT: 0 and the value, IDLE.");
+        EnclaveHouse house = new EnclaveHouse(5);
+        house.poke(0x1000, 0x00b50533, 0x02000893, 0x73, 0, 0);
+        int enclave = house.call(0, 1, 0x8000, 1024, 0, 0);
+        check.is("LOAD", 0, house.call(0, 2, enclave, 0, 0x1000, 0));
+        int thread = house.call(0, 3, enclave, 0, 1024, 0);
+        check.is("FINALISE", 0, house.call(0, 4, enclave, 0, 0, 0));
+        check.is("ENTER", thread, house.call(0, 5, thread, 7, 8, 0));
+        check.is("rounds", 3, house.run(3));
+        check.are("x10, x11", "0 15", house.register(0, 10), house.register(0, 11));
+        check.are("who sees it", "0 " + 0x00b50533, house.word(0x8000), house.inner(0x8000));
+        check.is("the event", 1, house.event(0, 0));
+    }
+
     private static void exits() {
+        check.terms(5, 14, "the system goes on in its MODE, at its PC, with its registers as they were, but x10 and "
+            + "x11: EXIT: 0 and the value, IDLE.");
+        check.terms(5, 14, "its registers (x10 as it was, also behind EXIT and YIELD) and PC (behind the CALL) stay "
+            + "with it alone;");
         Bench bench = new Bench(1);
         bench.enclave(0x8000, 256, 0, new Code().exit(1));
         int thread = bench.enclave(0x9000, 256, 0, new Code().set(8, 4).exit(-7));
@@ -57,6 +78,8 @@ public final class EnclaveTest {
     }
 
     private static void yields() {
+        check.terms(5, 14, "YIELD: 1 and the value, YIELDED.");
+        check.terms(5, 14, "if it YIELDED, x10 is what is given.");
         Bench bench = new Bench(1);
         Code code = new Code().callTo(9, 33, 55, 0).word(Code.byNumber(19, 10, 0, 9, 0)).set(17, 32).word(Code.CALL);
         int thread = bench.enclave(0x8000, 256, 0, code);
@@ -73,6 +96,7 @@ public final class EnclaveTest {
     }
 
     private static void faults() {
+        check.terms(5, 14, "A FAULT: 3 and the exception's number, DEAD. x12 is the THREAD then.");
         int[][] due = {
             {2, 0}, {3, Code.BREAK}, {4, Code.byNumber(3, 7, 2, 2, 1)}, {6, Code.storing(1, 2, 0, 1)},
             {5, Code.byNumber(3, 7, 2, 0, 0)}, {7, Code.storing(2, 0, 0, 0)}, {0, Code.jumping(7, 2)}
@@ -101,6 +125,8 @@ public final class EnclaveTest {
     }
 
     private static void staysInside() {
+        check.terms(4, 14, "without such an ENTRY, or a byte of MEMORY, they are not.");
+        check.terms(3, 14, "With a THREAD the address is the PLACE; alike exceptions 4, 6, then 1, 5, 7.");
         check.is("its own last word", -1, faultAt(new Code().set(5, 0x80fc).load(2, 6, 5, 0)));
         check.is("behind it", 5, faultAt(new Code().set(5, 0x80fc).load(2, 6, 5, 4)));
         check.is("ahead of it", 7, faultAt(new Code().set(5, 0x8000).store(0, 5, 0, -1)));
@@ -118,6 +144,8 @@ public final class EnclaveTest {
     }
 
     private static void interrupts() {
+        check.terms(1, 14, "2. If an interrupt is DUE: with a THREAD: it is INTERRUPTED (5);");
+        check.terms(5, 14, "INTERRUPTED: 2 and 0 (4 and 0 by the SLICE).");
         Bench bench = new Bench(1);
         Code code = new Code().word(Code.byNumber(19, 8, 0, 8, 1)).word(Code.jumping(0, -4));
         int thread = bench.enclave(0x8000, 256, 0, code);
@@ -148,6 +176,8 @@ public final class EnclaveTest {
     }
 
     private static void slices() {
+        check.terms(1, 14, "With a THREAD, if none is: it is INTERRUPTED, and that is all, also if the SLICE that "
+            + "the hart had when it began to run is above 0, and it did 3. so many times since.");
         Bench bench = new Bench(1);
         Code code = new Code().word(Code.byNumber(19, 8, 0, 8, 1)).word(Code.jumping(0, -4));
         int thread = bench.enclave(0x8000, 256, 0, code);
@@ -181,6 +211,9 @@ public final class EnclaveTest {
     }
 
     private static void handlers() {
+        check.terms(5, 14, "HANDLED is an exception of a THREAD that has a HANDLER (none, and nothing HELD, when it "
+            + "is ENTERED): its x10, x11, PC and HANDLER are HELD (instead of what was), x10 is the exception's "
+            + "number, x11 that PC; it goes on at the HANDLER, and has none then.");
         Bench bench = new Bench(1);
         Code code = new Code().call(43, 0x8080, 0).set(10, 51).set(11, 52).word(0).set(8, 1).word(0);
         while (code.size() < 0x80) {
@@ -208,6 +241,8 @@ public final class EnclaveTest {
     }
 
     private static void refusedReturns() {
+        check.terms(6, 14, "43 HANDLE: the HANDLER is p (BAD also: no multiple of 4; 0: none). 0.");
+        check.terms(6, 14, "BAD also: nothing is HELD, or that is no multiple of 4.");
         Bench bench = new Bench(1);
         int thread = bench.enclave(0x8000, 256, 0, new Code().callTo(20, 44, 4, 0).callTo(21, 43, 0x8082, 0)
             .callTo(24, 43, 0x8081, 0).callTo(22, 43, 0x807c, 0).callTo(23, 43, 0, 0).word(0));
@@ -229,6 +264,7 @@ public final class EnclaveTest {
 
     /** ENTERED again a THREAD has no HANDLER, and nothing is HELD. */
     private static void enteredAgain() {
+        check.terms(5, 14, "(none, and nothing HELD, when it is ENTERED):");
         Bench bench = new Bench(1);
         // With x10 = 0: a handler, then an exception, and the handler EXITS; with x10 = 1: RETURN, then an exception.
         Code code = new Code().word(Code.branching(1, 10, 0, 64)).call(43, 0x8000 + 36, 0).word(0).exit(1);
@@ -254,6 +290,7 @@ public final class EnclaveTest {
     }
 
     private static void returnsOnce() {
+        check.terms(6, 14, "nothing is HELD then. (No answer.)");
         Bench bench = new Bench(1);
         Code code = new Code().call(43, 0x8080, 0).word(0).callTo(20, 44, 4, 0).exit(1);
         while (code.size() < 0x80) {
@@ -266,6 +303,8 @@ public final class EnclaveTest {
     }
 
     private static void regionZero() {
+        check.terms(5, 22, "EVENTS of enclaves, in order: a sort, TIME, the hart, THREAD, and three numbers p, q, r:");
+        check.terms(4, 21, "of it that it ACCEPTED, by numbers, with load and store");
         Bench bench = new Bench(1);
         bench.call(1, 0x9000, 256);
         Code code = new Code().callTo(20, 38, 0, 0).set(5, 0xa000).store(0, 5, 5, 0).word(Code.jumping(0, 0));
@@ -288,6 +327,7 @@ public final class EnclaveTest {
 
     /** A RESERVATION goes with the THREAD'S beginning, and with its end. */
     private static void reservationsOfOneWord() {
+        check.terms(2, 14, "and when a THREAD begins or ceases to run on the hart.");
         Bench bench = new Bench(1);
         Code code = new Code().call(38, 1, 0).set(5, 0xa000).set(10, 0).set(17, 33).word(Code.CALL)
             .word(Code.inMemory(3, 8, 5, 5)).word(Code.inMemory(2, 9, 5, 0)).word(Code.CALL);
@@ -309,6 +349,9 @@ public final class EnclaveTest {
     }
 
     private static void acceptance() {
+        check.terms(6, 14, "38 ACCEPT REGION p: BAD also: it is no SHARED REGION, LINK, EXTRA of this enclave. "
+            + "STATE: it was ACCEPTED by it. 0.");
+        check.promise(20, "5 who ACCEPTED it: 1 the first, 2 the other one, together.");
         Bench bench = new Bench(1);
         Code code = new Code();
         for (int i = 0; i < 6; i++) {
@@ -327,7 +370,7 @@ public final class EnclaveTest {
             check.is("ACCEPT number " + i, due[i], bench.house.inside(thread, 20 + i));
         }
         check.is("who accepted", "0 1 1 0 2 0", accepted(bench));
-        check.is("events", "5: 1 0 0, 5: 2 0 0, 5: 4 0 0", bench.brief(0) + ", " + bench.brief(1) + ", " + bench.brief(2));
+        check.are("events", "5: 1 0 0 5: 2 0 0 5: 4 0 0", bench.brief(0), bench.brief(1), bench.brief(2));
     }
 
     private static String accepted(Bench bench) {
@@ -339,6 +382,8 @@ public final class EnclaveTest {
     }
 
     private static void entriesOfThreads() {
+        check.terms(4, 21, "With a THREAD: its enclave's PRIVATE REGION with all; then each SHARED REGION, LINK, "
+            + "EXTRA of it that it ACCEPTED, by numbers, with load and store (EXTRA with all).");
         Bench bench = new Bench(1);
         bench.call(1, 0x9000, 256);
         int shared = bench.call(9, 0, 0xd000, 256);
@@ -371,6 +416,9 @@ public final class EnclaveTest {
     }
 
     private static void storesAreTold() {
+        check.terms(5, 22, "4 something is stored in a SHARED REGION or LINK (place, what, not below 0 but of "
+            + "words, how many bytes: 1, 2, 4;");
+        check.promise(22, "0: none such is kept.");
         Bench bench = new Bench(1);
         Code code = new Code().call(38, 1, 0).set(5, 0xa000).set(6, -2).store(0, 5, 6, 1).store(1, 5, 6, 2)
             .store(2, 5, 6, 4).word(Code.inMemory(0, 7, 5, 6)).word(Code.inMemory(2, 7, 5, 0))
@@ -393,6 +441,7 @@ public final class EnclaveTest {
     }
 
     private static void eventsKept() {
+        check.terms(5, 22, "The first 1,000 are kept.");
         Bench bench = new Bench(1);
         Code code = new Code().call(38, 1, 0).set(5, 0xa000).store(2, 5, 6, 0).word(Code.byNumber(19, 6, 0, 6, 1))
             .word(Code.jumping(0, -8));
@@ -407,6 +456,8 @@ public final class EnclaveTest {
     }
 
     private static void atPlaceZero() {
+        check.terms(5, 22, "4 something is stored in a SHARED REGION or LINK (place,");
+        check.terms(4, 14, "With a THREAD: its enclave's PRIVATE REGION with all;");
         Bench bench = new Bench(1);
         int thread = bench.enclave(0, 256, 0, new Code().load(2, 7, 0, 0).store(2, 0, 0, 0).exit(3));
         int first = bench.house.inner(0);
@@ -422,6 +473,9 @@ public final class EnclaveTest {
     }
 
     private static void reservations() {
+        check.terms(2, 14, "A RESERVATION is lost, too, when a byte of its word is stored by anybody");
+        check.terms(2, 14, "and when a THREAD begins or ceases to run on the hart.");
+        check.promise(6, "as if it had been so (no RESERVATION is lost):");
         Bench bench = new Bench(1);
         int thread = bench.enclave(0x8000, 256, 0, new Code().exit(0));
         bench.stillHart1();
@@ -453,6 +507,9 @@ public final class EnclaveTest {
     }
 
     private static void illegalInside() {
+        check.terms(3, 14, "in U and with a THREAD all but 0xc01.");
+        check.terms(2, 14, "(258, 261 and this are ILLEGAL elsewhere.)");
+        check.terms(6, 14, "also another x17),");
         int[] words = {
             Code.LEAVE_TRAP, Code.WAIT, Code.byRegister(115, 0, 0, 0, 0, 9), Code.control(7, 2, 0, 0x100),
             Code.control(7, 2, 0, 0xf14), Code.control(7, 1, 0, 0xc01), Code.control(7, 2, 5, 0xc01)

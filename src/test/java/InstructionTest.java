@@ -5,6 +5,7 @@ public final class InstructionTest {
     private static final Check check = new Check("InstructionTest");
 
     public static void main(String[] args) {
+        check.look(args);
         withNumbers();
         withRegisters();
         products();
@@ -63,6 +64,8 @@ public final class InstructionTest {
     }
 
     private static void withNumbers() {
+        check.terms(2, 14, "19: x[d] is, by f, 0: x[a] + I; 2: 1 if x[a] is less than I, else 0; 3: so U; 4: xor; "
+            + "6: or; 7: and; 1, g 0: x[a] shifted left by b; 5, g 0: right, U; 5, g 32: right, with sign.");
         gives("sum", number(0, -5), 3, 0, -2);
         gives("sum", number(0, 2047), Integer.MAX_VALUE, 0, MIN + 2046);
         gives("less", number(2, -1), -2, 0, 1);
@@ -80,6 +83,9 @@ public final class InstructionTest {
     }
 
     private static void withRegisters() {
+        check.terms(2, 14, "51: x[d] is of x[a], x[b], with g 0, by f 0: sum; 1: shifted left by the lowest five "
+            + "bits of x[b]; 2: 1 if less; 3: so U; 4: xor; 5: so right, U; 6: or; 7: and; g 32, f 0: difference; "
+            + "f 5: so right, with sign;");
         gives("sum", register(0, 0), Integer.MAX_VALUE, 1, MIN);
         gives("difference", register(0, 32), 3, 5, -2);
         gives("left", register(1, 0), 1, 33, 2);
@@ -97,6 +103,7 @@ public final class InstructionTest {
     }
 
     private static void products() {
+        check.terms(2, 14, "g 1: 0: product; 1: upper 32 bits of the product; 2: of it, x[b] U; 3: of it, both U;");
         gives("product", register(0, 1), 0x10001, 0x10001, 0x20001);
         gives("upper", register(1, 1), -1, 1, -1);
         gives("upper", register(1, 1), MIN, MIN, 0x40000000);
@@ -107,6 +114,8 @@ public final class InstructionTest {
     }
 
     private static void quotients() {
+        check.terms(2, 14, "4: quotient to 0; 5: U; 6: rest with the sign of x[a]; 7: rest U. (Quotient by 0: all "
+            + "bits; rest by 0: x[a]; the least number by -1: itself, rest 0.)");
         gives("quotient", register(4, 1), -7, 2, -3);
         gives("quotient by 0", register(4, 1), 5, 0, -1);
         gives("the least by -1", register(4, 1), MIN, -1, MIN);
@@ -122,6 +131,7 @@ public final class InstructionTest {
     }
 
     private static void upperBits() {
+        check.terms(2, 14, "55: x[d] is H. 23: x[d] is PC + H.");
         gives("H", 55 | 7 << 7 | 0xabcde000, 0, 0, 0xabcde000);
         gives("PC + H", 23 | 7 << 7 | 0xfffff000, 0, 0, AT - 0x1000);
     }
@@ -131,6 +141,8 @@ public final class InstructionTest {
     }
 
     private static void jumps() {
+        check.terms(2, 14, "111: x[d] is PC + 4, on at PC + J. 103, f 0: on at x[a] + I with bit 0 cleared, x[d] is "
+            + "PC + 4 (by the old x[a]).");
         EnclaveHouse house = done(Code.jumping(7, -8), 0, 0);
         check.is("J", AT - 8, house.count(14));
         check.is("the way back", AT + 4, house.register(0, 7));
@@ -147,6 +159,8 @@ public final class InstructionTest {
     }
 
     private static void branches() {
+        check.terms(2, 14, "99: on at PC + B, if f 0: x[a] = x[b], 1: not, 4: less, 5: not, 6: less U, 7: not. A "
+            + "place to go on at that is no multiple of 4 is exception 0 (x[d] stays).");
         int[][] given = {{0, 5, 5}, {1, 5, 6}, {4, -1, 0}, {5, 0, -1}, {5, 3, 3}, {6, 0, -1}, {7, -1, 0}, {7, 4, 4}};
         for (int[] one : given) {
             goes("branch " + one[0], Code.branching(one[0], 5, 6, -4096), one[1], one[2], AT - 4096);
@@ -158,6 +172,8 @@ public final class InstructionTest {
     }
 
     private static void loads() {
+        check.terms(2, 14, "3: x[d] is loaded from x[a] + I: f 0 a byte with sign, 1 two bytes with sign, 2 a word, "
+            + "4 a byte U, 5 two bytes U.");
         int[] due = {-2, 0xfffff3fe, 0x8001f3fe, 0, 0xfe, 0xf3fe};
         for (int f : new int[] {0, 1, 2, 4, 5}) {
             EnclaveHouse house = new EnclaveHouse(1);
@@ -186,6 +202,7 @@ public final class InstructionTest {
     }
 
     private static void stores() {
+        check.terms(2, 14, "35: the lowest byte (f 0), two bytes (1), word (2) of x[b] is stored at x[a] + T.");
         int[] due = {0x11111144, 0x11113344, 0x11223344};
         for (int f = 0; f < 3; f++) {
             EnclaveHouse house = new EnclaveHouse(1);
@@ -223,6 +240,11 @@ public final class InstructionTest {
     }
 
     private static void conditionalStores() {
+        check.terms(2, 14, "2, b 0: x[d] is loaded, and the hart's RESERVATION is that word (its place in MEMORY). "
+            + "3: if the RESERVATION is that word x[b] is stored and x[d] is 0, else x[d] is 1; the hart has none "
+            + "then.");
+        check.terms(2, 14, "A RESERVATION is lost, too, when a byte of its word is stored by anybody (also by the "
+            + "monitor, which makes bytes 0 or writes them, by LOAD, a device, poke()),");
         EnclaveHouse house = reserving();
         house.run(2);
         check.is("loaded", 41, house.register(0, 7));
@@ -288,6 +310,8 @@ public final class InstructionTest {
     }
 
     private static void inMemory() {
+        check.terms(2, 14, "Others: x[d] is loaded, and what is stored is, of that and x[b], 1: x[b]; 0: the sum; "
+            + "4: xor; 8: or; 12: and; 16: the lesser; 20: the greater; 24: the lesser U; 28: the greater U.");
         int[][] due = {
             {1, 10, -3, -3}, {0, 10, -3, 7}, {4, 12, 10, 6}, {8, 12, 10, 14}, {12, 12, 10, 8}, {16, 10, -3, -3},
             {16, -3, 10, -3}, {20, 10, -3, 10}, {20, -3, 10, 10}, {24, 10, -3, 10}, {24, -3, 10, 10}, {28, 10, -3, -3},
@@ -324,6 +348,10 @@ public final class InstructionTest {
     }
 
     private static void controls() {
+        check.terms(2, 14, "115, f 1, 2, 3, 5, 6, 7: control register bits 31 .. 20 (U); the number is x[a], for f "
+            + "above 4 the field a: f 1, 5 it is written; 2, 6 the register's bits that are in it are set; 3, 7 "
+            + "cleared; x[d] gets what it was. For 2, 3, 6, 7 with field a 0 nothing is written; else it is a "
+            + "write.");
         int[][] due = {{1, 10}, {2, 14}, {3, 4}, {5, 5}, {6, 13}, {7, 8}};
         for (int[] one : due) {
             check.is("control by " + one[0], one[1], ofScratch(one[0], 5).control(0, 0x140));
@@ -346,6 +374,9 @@ public final class InstructionTest {
     }
 
     private static void specials() {
+        check.terms(2, 14, "15, f 0 or 1: nothing.");
+        check.terms(2, 14, "1: exception 3. 258: in S: on at EPC, the MODE is PP, IE becomes PIE, PIE 1, PP 0. 261: "
+            + "in S: the hart WAITS. f 0, d 0 and g 9, a and b any: in S nothing.");
         traps("break", done(Code.BREAK, 0, 0), 3, AT);
         check.is("fence", AT + 4, done(15, 0, 0).count(14));
         check.is("fence", AT + 4, done(15 | 1 << 12 | 31 << 7, 0, 0).count(14));
@@ -370,6 +401,7 @@ public final class InstructionTest {
     }
 
     private static void illegalOnes() {
+        check.terms(2, 14, "What is not named here is ILLEGAL: exception 2.");
         illegal(0);
         illegal(-1);
         illegal(Code.byNumber(103, 7, 1, 5, 0));

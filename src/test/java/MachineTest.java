@@ -6,6 +6,7 @@ public final class MachineTest {
     private static final Check check = new Check("MachineTest");
 
     public static void main(String[] args) {
+        check.look(args);
         newObject();
         boot();
         bootOfAll();
@@ -24,6 +25,7 @@ public final class MachineTest {
     }
 
     private static void newObject() {
+        check.promise(1, "A machine with a seed, as behind boot(0); THE DISK is 0, no MEASUREMENT has a COUNTER.");
         EnclaveHouse house = new EnclaveHouse(9);
         int[] due = {0, 0, 0, 0, 0, 0, 0, 0, -1, -1, 0, 0, 1, 1, 0, 0, 0, 0, 0, 0, -1, 0, 0};
         for (int what = 0; what < due.length; what++) {
@@ -46,6 +48,8 @@ public final class MachineTest {
     }
 
     private static void boot() {
+        check.promise(2, "All is as at first, with a version, but for THE DISK and COUNTERS: how many enclaves "
+            + "there were.");
         EnclaveHouse house = new EnclaveHouse(1);
         long fresh = house.outside();
         house.poke(0, 1, 2, 3, 4, 5);
@@ -74,6 +78,7 @@ public final class MachineTest {
 
     /** Everything that boot() puts back is another before. */
     private static void bootOfAll() {
+        check.promise(2, "(No EVENTS, TIME 0, both harts in S with the PC 0, the LINE off.)");
         Bench bench = new Bench(1);
         EnclaveHouse house = bench.house;
         long fresh = house.outside();
@@ -130,6 +135,8 @@ public final class MachineTest {
     }
 
     private static void logBehindBoot() {
+        check.promise(2, "All is as at first, with a version, ");
+        check.terms(7, 2, "The LOG (32 bytes 0 at first) ");
         Bench bench = new Bench(1);
         bench.call(1, 0, 256);
         bench.house.boot(0);
@@ -143,6 +150,8 @@ public final class MachineTest {
     }
 
     private static void poke() {
+        check.promise(3, "Five words come to MEMORY, from a place on, as the system would store them (RESERVATIONS "
+            + "are lost): 0. NONE, and none comes: the place is no multiple of 4, or a word is not OPEN.");
         EnclaveHouse house = new EnclaveHouse(1);
         check.is("poke", 0, house.poke(0, 1, -2, 3, -4, 5));
         check.is("its words", "1 -2 3 -4 5", words(house, 0));
@@ -174,6 +183,8 @@ public final class MachineTest {
     }
 
     private static void wordsOfMemory() {
+        check.promise(4, "The word at a place as the system may see it: 0 if it is not OPEN, or there is none.");
+        check.promise(5, "The word at a place whatever it is; 0 if there is none.");
         Bench bench = new Bench(1);
         EnclaveHouse house = bench.house;
         house.poke(0x1000, 0x01020304, 2, 3, 4, 5);
@@ -190,6 +201,8 @@ public final class MachineTest {
     }
 
     private static void secret() {
+        check.promise(6, "A byte (0 .. 255) of an enclave's PRIVATE REGION becomes another one, as if it had been "
+            + "so (no RESERVATION is lost): what it was. NONE: no such enclave, offset, byte.");
         Bench bench = new Bench(1);
         EnclaveHouse house = bench.house;
         bench.call(1, 0x8000, 256);
@@ -216,6 +229,9 @@ public final class MachineTest {
     }
 
     private static void registers() {
+        check.promise(7, "Register n of the system on a hart becomes v (x0 stays): what it was; 0: there is none "
+            + "such.");
+        check.promise(8, "That register; 0: there is none such.");
         EnclaveHouse house = new EnclaveHouse(1);
         check.is("it was 0", 0, house.setRegister(0, 31, -9));
         check.is("it was -9", -9, house.setRegister(0, 31, 8));
@@ -231,6 +247,8 @@ public final class MachineTest {
     }
 
     private static void place() {
+        check.promise(10, "The system's PC and MODE (0, 1) on a hart become others, and it WAITS no more: 0. NONE: "
+            + "no such hart, mode; the PC is no multiple of 4.");
         EnclaveHouse house = new EnclaveHouse(1);
         check.is("place", 0, house.place(1, -4, 0));
         check.is("its pc", -4, house.count(15));
@@ -250,6 +268,8 @@ public final class MachineTest {
     }
 
     private static void controlMasks() {
+        check.promise(11, "A control register of a hart is written as in S: 0.");
+        check.terms(3, 12, "What a write does not keep is 0 (of PENDING only bit 1 is written).");
         EnclaveHouse house = new EnclaveHouse(1);
         int[] kept = {786722, 546, -4, -1, -4, -1, -1, 2, -1, 0x803fffff};
         for (int i = 0; i < kept.length; i++) {
@@ -269,6 +289,8 @@ public final class MachineTest {
     }
 
     private static void controlRefusals() {
+        check.promise(11, "NONE: no such hart; it would be ILLEGAL there.");
+        check.promise(12, "A control register of a hart, as in S; 0: there is none such.");
         EnclaveHouse house = new EnclaveHouse(1);
         for (int number : new int[] {0xc01, 0xf14, 0, 0x101, 0x300, -1, 0x1100, Integer.MIN_VALUE}) {
             check.is("setControl " + number, -1, house.setControl(0, number, 1));
@@ -284,6 +306,8 @@ public final class MachineTest {
     }
 
     private static void rounds() {
+        check.promise(14, "So many ROUNDS, 0 .. 2,000: how many were done (that in which it goes OFF counts). NONE: "
+            + "another number.");
         EnclaveHouse house = new EnclaveHouse(1);
         check.is("none", 0, house.run(0));
         check.is("below 0", -1, house.run(-1));
@@ -295,6 +319,7 @@ public final class MachineTest {
     }
 
     private static void line() {
+        check.promise(17, "The LINE goes on or off: whether it was on.");
         EnclaveHouse house = new EnclaveHouse(1);
         check.is("it was off", false, house.line(true));
         check.is("it was on", true, house.line(true));
@@ -304,6 +329,8 @@ public final class MachineTest {
     }
 
     private static void goingOff() {
+        check.terms(1, 14, "When the machine is OFF nothing of this comes any more (a round in which it goes OFF "
+            + "ends at once), and call() is BAD; all other calls are as ever.");
         Bench bench = new Bench(1);
         EnclaveHouse house = bench.house;
         bench.system(0x100, new Code().word(Code.NOTHING).call(18, 0, 0));
@@ -327,6 +354,10 @@ public final class MachineTest {
     }
 
     private static void counts() {
+        check.promise(28, "2 enclaves, 3 REGIONS, 4 THREADS, 5 EVENTS in all, 6 bytes of the CONSOLE, 7 DMAs that "
+            + "wait, ");
+        check.promise(28, "12 MODE of hart 0, 13 of hart 1, 14 the PC of hart 0, 15 of hart 1 (of the system), ");
+        check.promise(28, "NONE: another what.");
         Bench bench = new Bench(1);
         EnclaveHouse house = bench.house;
         bench.call(1, 0x8000, 256);

@@ -8,6 +8,7 @@ public final class MonitorTest {
     private static final Check check = new Check("MonitorTest");
 
     public static void main(String[] args) {
+        check.look(args);
         digests();
         measurement();
         reports();
@@ -46,6 +47,8 @@ public final class MonitorTest {
     }
 
     private static void digests() {
+        check.promise(25, "Word k (0 .. 7, its highest byte being the earliest) of SHA-256 of n bytes (0 .. 4,096) "
+            + "from a place on (0 .. 131,072 less n), as word() shows them. 0: another place, n, k.");
         EnclaveHouse house = new EnclaveHouse(1);
         byte[] all = new byte[0];
         for (int i = 0; i < 20; i++) {
@@ -77,6 +80,9 @@ public final class MonitorTest {
     }
 
     private static void measurement() {
+        check.terms(7, 13, "MEASUREMENT of an enclave: SHA-256 of what it was made by, in order: CREATE: 1, the "
+            + "size; LOAD: 2, the page, its 256 bytes; THREAD: 3, the entry, the stack; FINALISE: 4, the FLAGS. "
+            + "(Not of where it lies.)");
         byte[] whole = new byte[0];
         for (int base : new int[] {0x8000, 0x10000}) {
             Bench bench = new Bench(base);
@@ -108,6 +114,9 @@ public final class MonitorTest {
     }
 
     private static void reports() {
+        check.terms(7, 14, "REPORT: the MEASUREMENT, the RECORD, the data, and HMAC by ROOT of 5 and these 96 bytes.");
+        check.promise(26, "Whether 128 bytes from a place on, as word() shows them, are a REPORT of this machine's "
+            + "as it is now.");
         Bench bench = new Bench(SEED);
         bench.house.boot(3);
         Code code = new Code().call(38, 1, 0).callTo(20, 34, DATA, 0xa001).callTo(21, 37, 0xa001, 0)
@@ -143,6 +152,8 @@ public final class MonitorTest {
     }
 
     private static void reportsOfOthers() {
+        check.promise(26, "are a REPORT of this machine's as it is now.");
+        check.terms(7, 26, "DEVICE: SHA-256 of the seed. ROOT: HMAC by DEVICE of the version.");
         byte[] body = new byte[96];
         Arrays.fill(body, (byte) 0x5a);
         int[] versions = {0, 1, -1};
@@ -165,6 +176,7 @@ public final class MonitorTest {
 
     /** Of a REPORT whose first and last bytes are 0 the rest is none, though nothing follows it in memory. */
     private static void reportsOverTheEdge() {
+        check.promise(26, "Whether 128 bytes from a place on, as word() shows them,");
         byte[] body = new byte[96];
         byte[] seal = Bench.mac(Bench.root(SEED, 0), Bench.numbers(5), body);
         for (int i = 1; i < 100000 && seal[31] != 0; i++) {
@@ -194,6 +206,7 @@ public final class MonitorTest {
     }
 
     private static void keys() {
+        check.terms(7, 14, "KEY for a label: HMAC by ROOT of 6, the MEASUREMENT, the label.");
         Bench bench = new Bench(SEED);
         bench.house.boot(2);
         Code code = new Code().callTo(20, 35, -9, DATA).callTo(21, 35, 10, DATA + 33).exit(0);
@@ -208,6 +221,9 @@ public final class MonitorTest {
     }
 
     private static void randoms() {
+        check.terms(7, 14, "RANDOM: the first so many bytes of HMAC by ROOT of 7, the MEASUREMENT, the GENERATION, "
+            + "and how often this enclave asked so before.");
+        check.terms(6, 14, "36 RANDOM: q (1 .. 32) bytes are written at p. 0.");
         Bench bench = new Bench(SEED);
         bench.call(1, 0x4000, 256);
         bench.call(8, 0);
@@ -237,6 +253,9 @@ public final class MonitorTest {
     }
 
     private static void selfAndLog() {
+        check.terms(7, 14, "The LOG (32 bytes 0 at first) becomes, with each CALL 1 to 11, 19, 20 of the system "
+            + "that is not refused, SHA-256 of itself, x17, p, q, r, s (from outside, too).");
+        check.terms(6, 14, "39 SELF: the 32 bytes of its MEASUREMENT are written at p. 0.");
         Bench bench = new Bench(SEED);
         Code code = new Code().callTo(20, 39, DATA, 0).callTo(21, 50, DATA + 32, 0).exit(0);
         code.poke(bench.house, 0x1000);
@@ -285,6 +304,7 @@ public final class MonitorTest {
     }
 
     private static void records() {
+        check.terms(6, 14, "49 EXTEND: the RECORD becomes SHA-256 of itself and 32 bytes at p. 0.");
         Bench bench = new Bench(SEED);
         Code code = new Code().callTo(20, 49, DATA, 0).callTo(21, 49, DATA + 1, 0).call(34, DATA, DATA + 64).exit(0);
         int thread = bench.enclave(BASE, 1024, 0, code);
@@ -304,6 +324,11 @@ public final class MonitorTest {
     }
 
     private static void mail() {
+        check.terms(6, 14, "FULL: its BOX has one. 0. 41 RECEIVE at p, 64 bytes: what is in the BOX, and the "
+            + "MEASUREMENT of who sent it (as it was then): 1; the BOX is empty then; 0, and nothing is written: "
+            + "it is empty.");
+        check.terms(5, 22, "6 SEND, eight times (to, k, word k of it), 7 RECEIVE (1 or 0, 0, 0; ahead of what it "
+            + "stores),");
         Bench bench = new Bench(SEED);
         int getter = bench.enclave(BASE, 1024, 0, mailCode());
         Code code = new Code().callTo(20, 40, 0, 0x9301).callTo(21, 40, 0, 0x9300).exit(0);
@@ -332,6 +357,7 @@ public final class MonitorTest {
     }
 
     private static void nothingIsLeftOfAnEnclave() {
+        check.terms(5, 18, "a RECORD (32 bytes, 0 when it becomes READY); a BOX for one mail;");
         Bench bench = new Bench(SEED);
         bench.enclave(BASE, 1024, 0, mailCode());
         int sender = bench.enclave(0x9000, 1024, 0, new Code().call(40, 0, 0x9300).call(49, 0x9300, 0)
@@ -353,6 +379,8 @@ public final class MonitorTest {
     }
 
     private static void mailRefusals() {
+        check.terms(6, 14, "40 SEND enclave p (BAD also: itself) the 32 bytes at q. STATE: that is not READY.");
+        check.terms(6, 14, "(All 64 must be LET THROUGH in any case.)");
         Bench bench = new Bench(SEED);
         Code code = new Code().callTo(20, 40, 0, DATA).callTo(21, 40, 1, DATA).callTo(22, 40, 2, DATA)
             .callTo(23, 40, -1, DATA).callTo(24, 40, 6, DATA).callTo(25, 40, 1, BASE + 1024 - 31)
@@ -372,6 +400,7 @@ public final class MonitorTest {
     }
 
     private static void counters() {
+        check.terms(6, 14, "42 COUNT: the COUNTER of this MEASUREMENT is one more: what it is.");
         Bench bench = new Bench(SEED);
         Code code = new Code().callTo(20, 42, 0, 0).callTo(21, 42, 0, 0).exit(0);
         int first = bench.enclave(BASE, 256, 0, code);
@@ -388,6 +417,7 @@ public final class MonitorTest {
     }
 
     private static void countersAreFull() {
+        check.terms(6, 14, "FULL: 8 MEASUREMENTS have one, and this has none (it is 0 then).");
         Bench bench = new Bench(SEED);
         int thread = 0;
         for (int i = 0; i < 9; i++) {
@@ -405,6 +435,7 @@ public final class MonitorTest {
     }
 
     private static void countersOutliveBoot() {
+        check.promise(2, "but for THE DISK and COUNTERS:");
         Bench bench = new Bench(SEED);
         Code code = new Code().callTo(20, 42, 0, 0).exit(0);
         for (int i = 1; i < 4; i++) {
@@ -418,6 +449,7 @@ public final class MonitorTest {
 
     /** What each call answers when its bytes are not LET THROUGH. */
     private static void reach() {
+        check.terms(6, 14, "what is read or written must be LET THROUGH byte by byte, else BAD;");
         int end = BASE + 1024;
         int[][] given = {
             {34, end - 31, DATA}, {34, DATA, end - 127}, {34, 0x100, DATA}, {34, DATA, -1}, {35, 1, end - 31},
@@ -433,7 +465,9 @@ public final class MonitorTest {
             check.is("nothing is written", 0, bench.house.inner(DATA) | bench.house.inner(end - 4));
             check.is("it did not ask", 0, bench.house.enclave(0, 7));
         }
-        int[][] fine = {{34, end - 32, DATA}, {34, DATA, end - 128}, {37, end - 128, 0}, {39, end - 32, 0}, {41, end - 64, 0}};
+        int[][] fine = {
+            {34, end - 32, DATA}, {34, DATA, end - 128}, {37, end - 128, 0}, {39, end - 32, 0}, {41, end - 64, 0}
+        };
         for (int[] one : fine) {
             Bench bench = new Bench(SEED);
             int thread = bench.enclave(BASE, 1024, 0, new Code().callTo(20, one[0], one[1], one[2]).exit(0));
@@ -443,6 +477,7 @@ public final class MonitorTest {
     }
 
     private static void overlappingReport() {
+        check.terms(6, 14, "all is read before anything is written):");
         Bench bench = new Bench(SEED);
         int thread = bench.enclave(BASE, 1024, 0, new Code().call(34, DATA + 5, DATA).exit(0));
         for (int i = 0; i < 32; i++) {
@@ -455,6 +490,7 @@ public final class MonitorTest {
     }
 
     private static void writesToShared() {
+        check.terms(5, 22, "also by the monitor at a THREAD'S CALL: byte by byte),");
         Bench bench = new Bench(SEED);
         Code code = new Code().call(38, 1, 0).callTo(20, 39, 0x83f0, 0).callTo(21, 41, 0x83e0, 0).exit(0);
         int thread = bench.enclave(BASE, 1024, 0, code);

@@ -8,8 +8,13 @@ public final class NeverThrowsTest {
         Integer.MIN_VALUE, Integer.MIN_VALUE + 4, Integer.MAX_VALUE, Integer.MAX_VALUE - 3
     };
 
+    private static final int MOST_CALLS = 512;
+    /** The most that any() makes at once. */
+    private static final int CALLS_AT_ONCE = 19;
+
     private final Random random;
     private final EnclaveHouse house;
+    private int calls;
 
     private NeverThrowsTest(long seed) {
         random = new Random(seed);
@@ -18,7 +23,9 @@ public final class NeverThrowsTest {
 
     public static void main(String[] args) {
         Check check = new Check("NeverThrowsTest");
-        for (int seed = 0; seed < 150; seed++) {
+        check.look(args);
+        check.whatItIs("An object is used for at most 512 calls after it has been made;");
+        for (int seed = 0; seed < 400; seed++) {
             check.is("run " + seed, "fine", ended(seed));
         }
         check.end();
@@ -27,7 +34,7 @@ public final class NeverThrowsTest {
     private static String ended(int seed) {
         try {
             NeverThrowsTest test = new NeverThrowsTest(seed);
-            for (int i = 0; i < 512; i++) {
+            while (test.calls <= MOST_CALLS - CALLS_AT_ONCE) {
                 test.any();
             }
             return "fine";
@@ -41,7 +48,10 @@ public final class NeverThrowsTest {
         if (kind == 0) {
             return random.nextInt();
         }
-        return kind < 4 ? random.nextInt(14) : kind < 6 ? random.nextInt(512) * 256 : EDGES[random.nextInt(EDGES.length)];
+        if (kind < 6) {
+            return kind < 4 ? random.nextInt(14) : random.nextInt(512) * 256;
+        }
+        return EDGES[random.nextInt(EDGES.length)];
     }
 
     /** A word that often is an instruction, with registers that hold places. */
@@ -60,8 +70,19 @@ public final class NeverThrowsTest {
         return random.nextInt() & ~127 | ops[random.nextInt(ops.length)];
     }
 
+    private static int callsOf(int kind) {
+        switch (kind) {
+            case 20: return CALLS_AT_ONCE;
+            case 21: return 3;
+            case 4: case 10: case 12: case 13: case 14: case 16: return 2;
+            default: return 1;
+        }
+    }
+
     private void any() {
-        switch (random.nextInt(30)) {
+        int kind = random.nextInt(30);
+        calls += callsOf(kind);
+        switch (kind) {
             case 0: house.word(number()); break;
             case 1: house.inner(number()); break;
             case 2: house.secret(number(), number(), number()); break;

@@ -6,6 +6,7 @@ public final class OutsideTest {
     private long x;
 
     public static void main(String[] args) {
+        check.look(args);
         atFirst();
         inTheMidst();
         secretsDoNotShow();
@@ -90,12 +91,23 @@ public final class OutsideTest {
     }
 
     private static void atFirst() {
+        check.promise(27, "OUTSIDE.");
+        check.terms(9, 27, "9 OUTSIDE is a number of what lies open to the system: x is 1; for each number v in "
+            + "this order (with its sign) x becomes x * 6364136223846793005 + v + 1 (64 bits):");
         EnclaveHouse house = new EnclaveHouse(1);
         check.is("at first", reckoned(house, new int[2], new int[0]), house.outside());
         check.is("of another seed", house.outside(), new EnclaveHouse(2).outside());
     }
 
     private static void inTheMidst() {
+        check.terms(9, 27, "all WORDS of MEMORY by places, those that are not OPEN as 0; for each hart x1 to x31, "
+            + "PC, MODE, 1 if it WAITS else 0, the THREAD that runs there (or -1), STATUS, ENABLED, TVEC, "
+            + "SCRATCH, EPC, CAUSE, TVAL, bit 1 of PENDING (1 or 0), COMPARE, ATP, SLICE; TIME; for each REGION 0 "
+            + ".. 11 its SORT (0: none, and nothing more of it), base, size; for each enclave its state (0: none) "
+            + "and GENERATION; for each THREAD its state (0: none); how many bytes the CONSOLE has, and these; "
+            + "all words of THE DISK; how many DMAs wait, were done and not told, FAILED of these; the enclave "
+            + "that has the PATH (or -1); how many keys wait for the system, and these; 1 if the machine is OFF, "
+            + "else 0.");
         Bench bench = new Bench(1);
         EnclaveHouse house = bench.house;
         house.poke(0x3000, -1, -2, Integer.MIN_VALUE, Integer.MAX_VALUE, 5);
@@ -145,6 +157,7 @@ public final class OutsideTest {
     }
 
     private static void secretsDoNotShow() {
+        check.terms(9, 27, "those that are not OPEN as 0;");
         Bench bench = new Bench(1);
         int thread = bench.enclave(0x8000, 256, 0, new Code().set(8, 5).word(Code.jumping(0, 0)));
         bench.call(5, thread, 1, 2);
@@ -160,6 +173,7 @@ public final class OutsideTest {
 
     /** What an enclave reckons with its secret does not come out, as long as it tells nothing. */
     private static void twoMachinesWithOtherSecrets() {
+        check.terms(9, 27, "OUTSIDE is a number of what lies open to the system:");
         long[] seen = new long[2];
         for (int i = 0; i < 2; i++) {
             Bench bench = new Bench(1);

@@ -621,7 +621,7 @@ final class SystemCallEdges {
 
     /** What the enclave had once, and another one has now or nobody, stays. */
     private void destroyTakesNoMore() {
-        edges.terms(6, 13, "its THREADS, BOX, SHARED REGIONS, LINKS, EXTRA (as with DROP), and it itself are no more; ");
+        edges.terms(6, 13, "its THREADS, BOX, SHARED REGIONS, LINKS, EXTRA (as with DROP), and it itself are no more;");
         Bench bench = ready();
         bench.call(1, 0x9000, 256);
         int shared = bench.call(9, 0, 0xa000, 256);

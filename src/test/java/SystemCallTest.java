@@ -3,6 +3,7 @@ public final class SystemCallTest {
     private static final Check check = new Check("SystemCallTest");
 
     public static void main(String[] args) {
+        check.look(args);
         whoMayCall();
         create();
         createIsFull();
@@ -35,6 +36,9 @@ public final class SystemCallTest {
     }
 
     private static void whoMayCall() {
+        check.promise(13, "A CALL of the system on a hart, from outside: x17 is f; p, q, r, s are not put into "
+            + "registers; the PC stays: the answer (of 5 and 6, if they are not refused, the THREAD). BAD (-1) "
+            + "also: no such hart, a THREAD runs there, or the machine is OFF.");
         Bench bench = ready(0);
         check.is("no hart", -1, bench.house.call(2, 15, 0, 0, 0, 0));
         check.is("no hart", -1, bench.house.call(-1, 15, 0, 0, 0, 0));
@@ -50,6 +54,9 @@ public final class SystemCallTest {
     }
 
     private static void create() {
+        check.terms(6, 13, "1 CREATE, SPAN p, q. OVERLAP: with a REGION. FULL: 6 enclaves, or 12 REGIONS. All bytes "
+            + "of it are 0 then; the enclave's number (the least free, as with all numbers here); LOADING.");
+        check.promise(18, "NONE: no such number or what; but for 0 and 5, if it is not there.");
         Bench bench = new Bench(1);
         int[][] bad = {
             {0, 128}, {0, 255}, {0, 65536}, {0, 0}, {0, -256}, {128, 256}, {256, 512}, {-256, 256}, {131072, 256},
@@ -95,6 +102,8 @@ public final class SystemCallTest {
     }
 
     private static void createIsFull() {
+        check.terms(6, 13, "FULL: 6 enclaves, or 12 REGIONS.");
+        check.terms(6, 13, "Refusals are answers, the first that fits in the order told:");
         Bench bench = new Bench(1);
         for (int i = 0; i < 6; i++) {
             check.is("enclave", i, bench.call(1, 0x8000 + 256 * i, 256));
@@ -116,6 +125,8 @@ public final class SystemCallTest {
     }
 
     private static void load() {
+        check.terms(6, 13, "2 LOAD of page q (256 bytes each; below the size) of enclave p from r on (a multiple of "
+            + "4): BAD also: not all those 256 bytes are OPEN. STATE: not LOADING. 0.");
         Bench bench = new Bench(1);
         bench.house.poke(0x1000, 1, 2, 3, 4, 5);
         bench.house.poke(0x10ec, 6, 7, 8, 9, 10);
@@ -127,7 +138,8 @@ public final class SystemCallTest {
         check.is("the page before it", 0, bench.house.inner(0x80fc));
         int[][] bad = {
             {2, 0, 0x1000}, {-1, 0, 0x1000}, {6, 0, 0x1000}, {0, 2, 0x1000}, {0, -1, 0x1000}, {0, 0x1000000, 0x1000},
-            {0, 0, 0x1002}, {0, 0, 0x1001}, {0, 0, -4}, {0, 0, 131072 - 252}, {0, 0, 0x8000}, {0, 0, 0x7f04}, {0, 0, 0x90fc}
+            {0, 0, 0x1002}, {0, 0, 0x1001}, {0, 0, -4}, {0, 0, 131072 - 252}, {0, 0, 0x8000}, {0, 0, 0x7f04},
+            {0, 0, 0x90fc}
         };
         for (int[] one : bad) {
             check.is("LOAD " + one[0] + " " + one[1] + " " + one[2], -1, bench.call(2, one));
@@ -142,10 +154,15 @@ public final class SystemCallTest {
     }
 
     private static void threads() {
+        check.terms(6, 13, "3 THREAD of enclave p, entry q (a multiple of 4 below the size), stack r (a multiple of "
+            + "16, at most the size, 0 and more). STATE: not LOADING. FULL: 3, or 12 in all. Its number; IDLE.");
+        check.promise(19, "Of a THREAD: what = 0 its state (0: none), 1 its enclave, 2 the hart on which it runs "
+            + "(NONE), 3 entry, 4 stack. NONE: no such number or what; but for 0, if it is not there.");
         Bench bench = new Bench(1);
         bench.call(1, 0x8000, 256);
         int[][] bad = {
-            {1, 0, 0}, {-1, 0, 0}, {0, 2, 0}, {0, 256, 0}, {0, -4, 0}, {0, 1, 0}, {0, 0, 8}, {0, 0, 1}, {0, 0, 272}, {0, 0, -16}
+            {1, 0, 0}, {-1, 0, 0}, {0, 2, 0}, {0, 256, 0}, {0, -4, 0}, {0, 1, 0}, {0, 0, 8}, {0, 0, 1}, {0, 0, 272},
+            {0, 0, -16}
         };
         for (int[] one : bad) {
             check.is("THREAD " + one[0] + " " + one[1] + " " + one[2], -1, bench.call(3, one));
@@ -181,6 +198,7 @@ public final class SystemCallTest {
     }
 
     private static void finalise() {
+        check.terms(6, 13, "4 FINALISE enclave p with FLAGS q (0, 1). STATE: not LOADING. 0; READY.");
         Bench bench = new Bench(1);
         bench.call(1, 0x8000, 256);
         check.is("no flags", -1, bench.call(4, 0, 2));
@@ -194,6 +212,10 @@ public final class SystemCallTest {
     }
 
     private static void enter() {
+        check.terms(6, 13, "5 ENTER THREAD p with q (x10) and r (x11). STATE: the enclave is not READY, or it is "
+            + "not IDLE.");
+        check.promise(9, "Register n of a THREAD, n = 32 its PC (all 0 before it is ENTERED first); 0: there is "
+            + "none such.");
         Bench bench = new Bench(1);
         bench.call(1, 0x8000, 256);
         bench.call(3, 0, 16, 64);
@@ -220,6 +242,7 @@ public final class SystemCallTest {
     }
 
     private static void resume() {
+        check.terms(6, 13, "6 RESUME THREAD p with q. STATE: not READY, or neither INTERRUPTED nor YIELDED.");
         Bench bench = ready(0);
         check.is("IDLE", -2, bench.call(6, 0, 0));
         check.is("no thread", -1, bench.call(6, 12, 0));
@@ -242,6 +265,8 @@ public final class SystemCallTest {
     }
 
     private static void stopAndDestroy() {
+        check.terms(6, 13, "7 STOP enclave p. STATE: not READY. BUSY: a THREAD of it is RUNNING. 0; STOPPED. 8 "
+            + "DESTROY enclave p. STATE: READY. All bytes of its REGION become 0;");
         Bench bench = ready(0);
         check.is("no enclave", -1, bench.call(7, 1));
         check.is("no enclave", -1, bench.call(8, 6));
@@ -261,6 +286,8 @@ public final class SystemCallTest {
     }
 
     private static void destroyTakesAll() {
+        check.terms(6, 13, "its THREADS, BOX, SHARED REGIONS, LINKS, EXTRA (as with DROP), and it itself are no "
+            + "more;");
         Bench bench = ready(0);
         bench.call(1, 0x9000, 256);
         bench.call(9, 0, 0xa000, 256);
@@ -280,6 +307,8 @@ public final class SystemCallTest {
     }
 
     private static void share() {
+        check.terms(6, 13, "9 SHARE with enclave p: SPAN q, r. STATE: STOPPED. OVERLAP. FULL: 12 REGIONS. The "
+            + "REGION.");
         Bench bench = ready(0);
         check.is("no enclave", -1, bench.call(9, 1, 0xa000, 256));
         check.is("no span", -1, bench.call(9, 0, 0xa080, 256));
@@ -297,6 +326,8 @@ public final class SystemCallTest {
     }
 
     private static void links() {
+        check.terms(6, 13, "10 LINK of enclaves p and q (BAD also: the same): SPAN r, s. STATE: one is STOPPED. "
+            + "OVERLAP. FULL. All bytes of it are 0 then; the REGION.");
         Bench bench = ready(0);
         bench.call(1, 0x9000, 256);
         check.is("the same", -1, bench.call(10, 0, 0, 0xa000, 256));
@@ -318,6 +349,8 @@ public final class SystemCallTest {
     }
 
     private static void drop() {
+        check.terms(6, 13, "11 DROP REGION p. BAD also: a PRIVATE one. All bytes of a LINK, of EXTRA become 0; it "
+            + "is no more. 0.");
         Bench bench = ready(0);
         bench.call(9, 0, 0xa000, 256);
         bench.call(20, 0, 0xb000, 256);
@@ -335,6 +368,8 @@ public final class SystemCallTest {
     }
 
     private static void offer() {
+        check.terms(6, 13, "20 OFFER enclave p: SPAN q, r, as EXTRA. STATE: not READY. OVERLAP. FULL. All bytes of "
+            + "it are 0 then; the REGION.");
         Bench bench = ready(0);
         bench.call(1, 0x9000, 256);
         check.is("not READY", -2, bench.call(20, 1, 0xa000, 256));
@@ -350,6 +385,9 @@ public final class SystemCallTest {
     }
 
     private static void machineCalls() {
+        check.terms(6, 13, "12 PUT: the lowest byte of p goes to the CONSOLE. FULL: it has 1,024. How many it has. "
+            + "13 SIGNAL hart p: bit 1 of PENDING there is set. 0.");
+        check.terms(6, 13, "19 SLICE of this hart is p, 0 .. 100,000 (0 at first). 0.");
         Bench bench = new Bench(1);
         for (int i = 1; i <= 400; i++) {
             bench.call(12, i);
@@ -377,8 +415,12 @@ public final class SystemCallTest {
     }
 
     private static void disk() {
+        check.terms(6, 13, "14 DMA (8): p 0 to MEMORY, 1 from there; sector q, 0 .. 31; place r, a multiple of 4, "
+            + "all 256 bytes of which there are. FULL: 4 wait. How many wait.");
         Bench bench = new Bench(1);
-        int[][] bad = {{2, 0, 0}, {-1, 0, 0}, {0, 32, 0}, {0, -1, 0}, {0, 0, 2}, {0, 0, 1}, {0, 0, -4}, {0, 0, 131072 - 252}};
+        int[][] bad = {
+            {2, 0, 0}, {-1, 0, 0}, {0, 32, 0}, {0, -1, 0}, {0, 0, 2}, {0, 0, 1}, {0, 0, -4}, {0, 0, 131072 - 252}
+        };
         for (int[] one : bad) {
             check.is("DMA " + one[0] + " " + one[1] + " " + one[2], -1, bench.call(14, one));
         }
@@ -392,6 +434,9 @@ public final class SystemCallTest {
     }
 
     private static void measureAndLook() {
+        check.terms(6, 13, "16 MEASURE: word q (0 .. 7) of the MEASUREMENT of enclave p, its highest byte being the "
+            + "earliest. STATE: LOADING. 17 LOOK at offset q (a multiple of 4 below the size) of enclave p: the "
+            + "word. DENIED: not DEBUG, or LOADING.");
         Bench bench = ready(1);
         bench.enclave(0x9000, 256, 0, new Code().exit(1));
         bench.call(1, 0xa000, 256);
@@ -413,6 +458,9 @@ public final class SystemCallTest {
     }
 
     private static void regionsShown() {
+        check.promise(20, "Of a REGION: what = 0 its SORT (0: none), 1 base, 2 size, 3 its enclave, 4 the other "
+            + "enclave of a LINK (NONE), 5 who ACCEPTED it: 1 the first, 2 the other one, together. NONE: no such "
+            + "number or what; but for 0, if it is not there.");
         Bench bench = ready(0);
         int[] due = {1, 0x8000, 1024, 0, -1, 0};
         for (int what = 0; what < 6; what++) {
@@ -427,6 +475,10 @@ public final class SystemCallTest {
     }
 
     private static void entriesOfTheSystem() {
+        check.promise(21, "Of ENTRY i of a hart, as it is now: what = 0 base, 1 size, 2 RIGHTS. NONE: there is none "
+            + "such.");
+        check.terms(4, 21, "With the system: for each REGION that is not OPEN, by numbers, one without RIGHTS; then "
+            + "one of all MEMORY with all.");
         Bench bench = ready(0);
         bench.call(9, 0, 0xa000, 256);
         bench.call(20, 0, 0xb000, 512);
@@ -445,6 +497,7 @@ public final class SystemCallTest {
 
     /** A LINK has four numbers, so all of them have to come from the right registers. */
     private static void fourNumbersBySystemCode() {
+        check.terms(6, 14, "x17 says which one; x10 to x13 are p, q, r, s; x10 becomes the answer;");
         Bench bench = ready(0);
         bench.call(1, 0x9000, 256);
         bench.stillHart1();
@@ -457,6 +510,8 @@ public final class SystemCallTest {
 
     /** Numbers are used again: nothing of who had them before is left. */
     private static void usedAgain() {
+        check.terms(6, 13, "(the least free, as with all numbers here);");
+        check.promise(9, "(all 0 before it is ENTERED first);");
         Bench bench = new Bench(1);
         Code code = new Code().call(43, 0x8080, 0).call(36, 0x80f0, 4).call(38, 1, 0).exit(5);
         int thread = bench.enclave(0x8000, 256, 0, code);
@@ -476,6 +531,8 @@ public final class SystemCallTest {
     }
 
     private static void bySystemCode() {
+        check.terms(6, 14, "x10 becomes the answer; the PC goes on by 4 (of the system that began a THREAD, too).");
+        check.terms(6, 14, "(Of 5 and 6 there is an answer only if they are refused.)");
         Bench bench = ready(0);
         bench.system(0x100, new Code().call(12, 65, 0).call(99, 0, 0).call(5, 0, 21));
         bench.stillHart1();
@@ -489,7 +546,8 @@ public final class SystemCallTest {
         check.is("its x10 is as it was", 0, bench.house.register(0, 10));
         check.is("its x10 is given", 21, bench.house.inside(0, 10));
         bench.runThread();
-        check.is("YIELD", "1 5 0", bench.house.register(0, 10) + " " + bench.house.register(0, 11) + " " + bench.house.register(0, 12));
+        check.are("YIELD", "1 5 0", bench.house.register(0, 10), bench.house.register(0, 11),
+            bench.house.register(0, 12));
         check.is("the system's PC", 0x100 + 84, bench.house.count(14));
     }
 }
